@@ -1,0 +1,146 @@
+import java.util.Random;
+
+/** Writes texts by chance: programs that can be built for the most part, and spoiled ones. */
+final class Programs {
+    private static final String[] BINARY = {
+        "||", "&&", "|", "^", "&", "==", "!=", "<", "<=", ">", ">=", "<<", ">>", "+", "-", "*", "/", "%"};
+    private static final String[] PIECES = {
+        "input", "var", "if", "else", "while", "assert", "assume", "a", "x", "toolongname", "0", "1", "8", "9", "255",
+        "256", "(", ")", "{", "}", ";", ":", "=", "?", "!", "~", "-", "+", "*", "==", "<<", "&&", "|", "@", "\t"};
+
+    private final Random random;
+    private final boolean heavy;
+    private int inputs;
+    private int variables;
+
+    Programs(long seed, boolean heavy) {
+        random = new Random(seed);
+        this.heavy = heavy;
+    }
+
+    private int upTo(int n) {
+        return random.nextInt(n);
+    }
+
+    String program() {
+        StringBuilder b = new StringBuilder();
+        inputs = 0;
+        variables = 0;
+        int bits = heavy ? 12 : upTo(13);
+        while (bits > 0) {
+            int w = Math.min(bits, 1 + upTo(8));
+            b.append("input i").append((char) ('a' + inputs)).append(':').append(w).append(";");
+            inputs++;
+            bits -= w;
+        }
+        int most = upTo(10) == 0 ? 13 : 5;
+        for (int n = upTo(most); n > 0; n--) {
+            b.append("var v").append((char) ('a' + variables)).append(':').append(1 + upTo(8)).append("; ");
+            variables++;
+        }
+        for (int n = 1 + upTo(heavy ? 10 : 7); n > 0; n--) {
+            statement(b, 0);
+        }
+        return b.toString();
+    }
+
+    private void statement(StringBuilder b, int depth) {
+        int what = upTo(depth > 3 ? 8 : 14);
+        if (what < 5 && variables > 0) {
+            b.append('v').append((char) ('a' + upTo(variables))).append(" = ");
+            expr(b, 0);
+            b.append(";\n");
+        } else if (what < 7) {
+            b.append("assert ");
+            likely(b);
+            b.append(";");
+        } else if (what < 8) {
+            b.append("assume ");
+            likely(b);
+            b.append(";");
+        } else if (what < 11) {
+            b.append("if (");
+            expr(b, 1);
+            b.append(") ");
+            statement(b, depth + 1);
+            if (upTo(2) == 0) {
+                b.append(" else ");
+                statement(b, depth + 1);
+            }
+        } else if (what < 12) {
+            b.append("while ").append(upTo(upTo(5) == 0 ? 9 : 4)).append("(");
+            expr(b, 1);
+            b.append(")");
+            statement(b, depth + 1);
+        } else {
+            b.append("{");
+            for (int n = upTo(4); n > 0; n--) {
+                statement(b, depth + 1);
+            }
+            b.append("}");
+        }
+    }
+
+    /** A claim that holds for most INPUTS, so that some RUNS come further. */
+    private void likely(StringBuilder b) {
+        if (upTo(3) == 0) {
+            expr(b, 0);
+        } else {
+            expr(b, 1);
+            b.append(upTo(2) == 0 ? " != " : " <= ").append(upTo(3) == 0 ? upTo(256) : 200 + upTo(56));
+        }
+    }
+
+    private void expr(StringBuilder b, int depth) {
+        int what = upTo(depth > 4 ? 4 : 12);
+        if (what < 3) {
+            int who = inputs + variables == 0 ? 0 : upTo(inputs + variables);
+            if (inputs + variables == 0 || upTo(4) == 0) {
+                b.append(upTo(3) == 0 ? upTo(256) : upTo(8));
+            } else if (who < inputs) {
+                b.append('i').append((char) ('a' + who));
+            } else {
+                b.append('v').append((char) ('a' + who - inputs));
+            }
+        } else if (what < 4) {
+            b.append("!~-".charAt(upTo(3)));
+            expr(b, depth + 1);
+        } else if (what < 9) {
+            expr(b, depth + 1);
+            b.append(heavy && upTo(2) == 0 ? BINARY[13 + upTo(5)] : BINARY[upTo(BINARY.length)]);
+            expr(b, depth + 1);
+        } else if (what < 11) {
+            b.append("(");
+            expr(b, depth + 1);
+            b.append(")");
+        } else {
+            b.append("(");
+            expr(b, depth + 1);
+            b.append(" ? ");
+            expr(b, depth + 1);
+            b.append(" : ");
+            expr(b, depth + 1);
+            b.append(")");
+        }
+    }
+
+    /** A program with a few pieces put in, left out or doubled. */
+    String spoiled() {
+        StringBuilder b = new StringBuilder(program());
+        for (int n = 1 + upTo(3); n > 0 && b.length() > 0; n--) {
+            int at = upTo(b.length());
+            switch (upTo(3)) {
+                case 0:
+                    b.insert(at, PIECES[upTo(PIECES.length)]);
+                    break;
+                case 1:
+                    b.delete(at, Math.min(b.length(), at + 1 + upTo(3)));
+                    break;
+                default:
+                    b.insert(at, b.substring(at, Math.min(b.length(), at + upTo(9))));
+                    break;
+            }
+        }
+        return b.toString();
+    }
+}
