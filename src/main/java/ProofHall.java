@@ -81,15 +81,13 @@ public final class ProofHall {
     // How tightly the signs from || to the - before an operand hold, by their numbers.
     private static final int[] STRENGTH = {0, 1, 2, 3, 4, 5, 6, 6, 7, 7, 7, 7, 8, 8, 9, 9, 10, 10, 10, 11, 11, 11};
 
-    // What WIDTH an outcome has, by the same numbers, and on to the choice.
-    private static final int WIDEST = 0;
+    // What WIDTH an outcome has, by the same numbers, and on to the choice; 0: the greatest of all.
     private static final int ONE_BIT = 1;
     private static final int OF_FIRST = 2;
     private static final int OF_BRANCHES = 3;
     private static final int[] OUTCOME = {0, 1, 1, 0, 0, 0, 1, 1, 1, 1, 1, 1, 2, 2, 0, 0, 0, 0, 0, 1, 0, 0, 3};
 
-    // What WORK an operation is.
-    private static final int BY_WIDTH = 0;
+    // What WORK an operation is; 0: its WIDTH.
     private static final int FOURFOLD = 1;
     private static final int SQUARED = 2;
     private static final int[] PRICE = {0, 0, 0, 0, 0, 0, 0, 0, 0, 0, 0, 0, 1, 1, 0, 0, 2, 2, 2, 0, 0, 0, 0};
@@ -148,7 +146,9 @@ public final class ProofHall {
     }
 
     public int build() throws IllegalStateException {
-        parser.parse(scanner, draft);
+        scanner.cut();
+        parser.begin(scanner, draft);
+        parser.conclude(parser.declarations() && parser.statements());
         scanner.length = 0;
         if (draft.fault != 0) {
             fault = draft.fault;
@@ -170,7 +170,8 @@ public final class ProofHall {
         needProgram();
         inquiry.open();
         inquiry.demand(inquiry.encoder.anyFailure);
-        inquiry.settle();
+        inquiry.pose();
+        inquiry.look();
         return inquiry.verdict(inquiry.trial.outcome == FAILED);
     }
 
@@ -181,7 +182,8 @@ public final class ProofHall {
         }
         inquiry.open();
         inquiry.demand(inquiry.encoder.failures[k]);
-        inquiry.settle();
+        inquiry.pose();
+        inquiry.look();
         return inquiry.verdict(inquiry.trial.outcome == FAILED && inquiry.trial.failedAt == k);
     }
 
@@ -204,7 +206,8 @@ public final class ProofHall {
         inquiry.open();
         inquiry.demand(inquiry.encoder.guard);
         inquiry.demand(inquiry.encoder.difference(v, w));
-        inquiry.settle();
+        inquiry.pose();
+        inquiry.look();
         Machine trial = inquiry.trial;
         return inquiry.verdict(trial.outcome == ENDED && trial.variables[v] != trial.variables[w]);
     }
@@ -215,7 +218,8 @@ public final class ProofHall {
         inquiry.open();
         inquiry.demand(inquiry.encoder.guard);
         inquiry.demandWorth(v, x);
-        inquiry.settle();
+        inquiry.pose();
+        inquiry.look();
         return inquiry.verdict(inquiry.trial.outcome == ENDED && inquiry.trial.variables[v] == x);
     }
 
@@ -303,21 +307,24 @@ public final class ProofHall {
         return (1 << width) - 1;
     }
 
-    /** Holds TEXT and cuts it into tokens, one at a time. */
+    /** Holds TEXT and cuts it into tokens. */
     private static final class Scanner {
         private static final int NAME_LIMIT = 8;
         private static final int NUMBER_LIMIT = 255;
+        private static final int TOKENS = TEXT_LIMIT + 1;
 
         private final byte[] text = new byte[TEXT_LIMIT];
-        /** In the order of the tokens' numbers, from WORD_INPUT on. */
+        /** In the order of the tokens' kinds, from WORD_INPUT on. */
         private final long[] words;
         int length;
         private int at;
-        int kind;
-        int start;
-        int number;
-        /** The letters of a NAME or WORD, five bits each. */
-        long name;
+
+        private int tokens;
+        private final int[] kinds = new int[TOKENS];
+        private final int[] starts = new int[TOKENS];
+        /** A NUMBER, or the letters of a NAME or WORD, five bits each. */
+        private final long[] contents = new long[TOKENS];
+        private int current;
 
         Scanner() {
             words = new long[] {packed("input"), packed("var"), packed("if"), packed("else"), packed("while"),
@@ -339,24 +346,45 @@ public final class ProofHall {
             }
         }
 
-        void begin() {
-            at = 0;
-            advance();
+        int kind() {
+            return kinds[current];
         }
 
+        int start() {
+            return starts[current];
+        }
+
+        long name() {
+            return contents[current];
+        }
+
+        int number() {
+            return (int) contents[current];
+        }
+
+        /** The last token, FINISH, is never left. */
         void advance() {
-            while (at < length && (text[at] == ' ' || text[at] == '\n')) {
-                at++;
+            if (current < tokens - 1) {
+                current++;
             }
-            start = at;
-            if (at >= length) {
-                kind = FINISH;
-            } else if (isLetter(at)) {
-                readWord();
-            } else if (isDigit(at)) {
-                readNumber();
-            } else {
-                readSign();
+        }
+
+        /** Cuts all of TEXT; what begins no token is one too, a BAD one, as only the first in the way matters. */
+        void cut() {
+            at = 0;
+            tokens = 0;
+            current = 0;
+            for (int n = 0; n < TOKENS; n++) {
+                while (at < length && (text[at] == ' ' || text[at] == '\n')) {
+                    at++;
+                }
+                starts[tokens] = at;
+                contents[tokens] = 0;
+                kinds[tokens] = at >= length ? FINISH : isLetter(at) ? word() : isDigit(at) ? digits() : sign();
+                tokens++;
+                if (kinds[tokens - 1] == FINISH) {
+                    return;
+                }
             }
         }
 
@@ -368,39 +396,42 @@ public final class ProofHall {
             return i < length && text[i] >= '0' && text[i] <= '9';
         }
 
-        private void readWord() {
-            name = 0;
+        private int word() {
+            long letters = 0;
+            int start = at;
             while (isLetter(at)) {
-                name = name * 32 + (text[at] - 'a' + 1);
+                letters = letters * 32 + (text[at] - 'a' + 1);
                 at++;
             }
-            kind = at - start > NAME_LIMIT ? BAD : NAME;
-            for (int i = 0; i < words.length && kind == NAME; i++) {
-                if (words[i] == name) {
-                    kind = WORD_INPUT + i;
+            contents[tokens] = letters;
+            if (at - start > NAME_LIMIT) {
+                return BAD;
+            }
+            for (int i = 0; i < words.length; i++) {
+                if (words[i] == letters) {
+                    return WORD_INPUT + i;
                 }
             }
+            return NAME;
         }
 
-        private void readNumber() {
-            number = 0;
+        private int digits() {
+            int number = 0;
             while (isDigit(at)) {
                 // Held just above the limit, so that a long row of digits can't wrap around.
                 number = Math.min(number * 10 + (text[at] - '0'), NUMBER_LIMIT + 1);
                 at++;
             }
-            kind = number > NUMBER_LIMIT ? BAD : NUMBER;
+            contents[tokens] = number;
+            return number > NUMBER_LIMIT ? BAD : NUMBER;
         }
 
-        private void readSign() {
+        private int sign() {
+            int first = text[at];
             int next = at + 1 < length ? text[at + 1] : 0;
-            kind = doubleSign(text[at], next);
-            if (kind == BAD) {
-                kind = singleSign(text[at]);
-                at++;
-            } else {
-                at += 2;
-            }
+            int both = doubleSign(first, next);
+            at += both == BAD ? 1 : 2;
+            return both == BAD ? singleSign(first) : both;
         }
 
         private static int doubleSign(int sign, int next) {
@@ -619,23 +650,26 @@ public final class ProofHall {
         private int depth;
         private int work;
 
-        void parse(Scanner from, Program into) {
+        void begin(Scanner from, Program into) {
             scanner = from;
             program = into;
             program.clear();
             height = 0;
             openLoops = 0;
-            scanner.begin();
-            if (!declarations() || !statements()) {
+        }
+
+        /** SYNTAX goes before all other faults, WORK behind. */
+        void conclude(boolean good) {
+            if (!good) {
                 program.fault = FAULT_SYNTAX;
-                program.where = scanner.start;
+                program.where = scanner.start();
             } else if (program.work > WORK_LIMIT) {
                 program.note(FAULT_WORK, scanner.length);
             }
         }
 
         private boolean accept(int kind) {
-            if (scanner.kind != kind) {
+            if (scanner.kind() != kind) {
                 return false;
             }
             scanner.advance();
@@ -647,10 +681,10 @@ public final class ProofHall {
             return Math.min(much, WORK_LIMIT + 1);
         }
 
-        private boolean declarations() {
+        boolean declarations() {
             boolean good = true;
             for (int n = 0; n < TEXT_LIMIT && good; n++) {
-                if (scanner.kind != WORD_INPUT && scanner.kind != WORD_VAR) {
+                if (scanner.kind() != WORD_INPUT && scanner.kind() != WORD_VAR) {
                     return true;
                 }
                 good = declaration();
@@ -659,15 +693,15 @@ public final class ProofHall {
         }
 
         private boolean declaration() {
-            boolean input = scanner.kind == WORD_INPUT;
+            boolean input = scanner.kind() == WORD_INPUT;
             scanner.advance();
-            long name = scanner.name;
-            int nameAt = scanner.start;
+            long name = scanner.name();
+            int nameAt = scanner.start();
             if (!accept(NAME) || !accept(COLON)) {
                 return false;
             }
-            int bits = scanner.number;
-            int bitsAt = scanner.start;
+            int bits = scanner.number();
+            int bitsAt = scanner.start();
             if (!accept(NUMBER) || !accept(SEMICOLON)) {
                 return false;
             }
@@ -681,13 +715,13 @@ public final class ProofHall {
             return true;
         }
 
-        private boolean statements() {
+        boolean statements() {
             boolean good = true;
             for (int n = 0; n <= TEXT_LIMIT && good; n++) {
-                if (height > DEPTH_LIMIT && scanner.kind != CLOSE_BRACE) {
+                if (height > DEPTH_LIMIT && scanner.kind() != CLOSE_BRACE) {
                     return false;
                 }
-                switch (scanner.kind) {
+                switch (scanner.kind()) {
                     case NAME:
                     case WORD_ASSERT:
                     case WORD_ASSUME:
@@ -705,7 +739,7 @@ public final class ProofHall {
                         good = closeBlock();
                         break;
                     default:
-                        return scanner.kind == FINISH && height == 0;
+                        return scanner.kind() == FINISH && height == 0;
                 }
             }
             return false;
@@ -732,7 +766,7 @@ public final class ProofHall {
 
         /** A setting, or a claim. */
         private boolean simple() {
-            int what = scanner.kind == NAME ? DO_SET : scanner.kind == WORD_ASSERT ? DO_ASSERT : DO_ASSUME;
+            int what = scanner.kind() == NAME ? DO_SET : scanner.kind() == WORD_ASSERT ? DO_ASSERT : DO_ASSUME;
             int number = what == DO_SET ? target() : program.assertions;
             scanner.advance();
             if (what == DO_SET && !accept(ASSIGN)) {
@@ -752,20 +786,20 @@ public final class ProofHall {
         }
 
         private int target() {
-            int who = program.find(scanner.name);
+            int who = program.find(scanner.name());
             if (who == Program.NOBODY) {
-                program.note(FAULT_UNKNOWN, scanner.start);
+                program.note(FAULT_UNKNOWN, scanner.start());
             } else if (who < INPUT_BITS) {
-                program.note(FAULT_INPUT_SET, scanner.start);
+                program.note(FAULT_INPUT_SET, scanner.start());
             }
             return Math.max(0, who - INPUT_BITS);
         }
 
         /** An if or a while, up to its first STATEMENT. */
         private boolean fork() {
-            boolean loop = scanner.kind == WORD_WHILE;
+            boolean loop = scanner.kind() == WORD_WHILE;
             scanner.advance();
-            int times = scanner.number;
+            int times = scanner.number();
             if (loop && !loopNumber(times) || !accept(OPEN)) {
                 return false;
             }
@@ -784,7 +818,7 @@ public final class ProofHall {
         }
 
         private boolean loopNumber(int times) {
-            int at = scanner.start;
+            int at = scanner.start();
             if (!accept(NUMBER)) {
                 return false;
             }
@@ -805,7 +839,7 @@ public final class ProofHall {
                 if (kinds[top] == BLOCK) {
                     return;
                 }
-                if (kinds[top] == THEN && scanner.kind == WORD_ELSE) {
+                if (kinds[top] == THEN && scanner.kind() == WORD_ELSE) {
                     scanner.advance();
                     goOnWithElse(top);
                     return;
@@ -851,17 +885,19 @@ public final class ProofHall {
 
         private boolean operand() {
             for (int n = 0; n <= TEXT_LIMIT && depth <= DEPTH_LIMIT; n++) {
-                switch (scanner.kind) {
+                switch (scanner.kind()) {
                     case NAME:
                         named();
+                        scanner.advance();
                         return true;
                     case NUMBER:
-                        push(NUMBER, scanner.number, leastWidth(scanner.number));
+                        push(NUMBER, scanner.number(), leastWidth(scanner.number()));
+                        scanner.advance();
                         return true;
                     case OPEN:
                     case NOT:
                     case COMPLEMENT:
-                        deepen(scanner.kind);
+                        deepen(scanner.kind());
                         break;
                     case MINUS:
                         deepen(NEGATE);
@@ -882,9 +918,9 @@ public final class ProofHall {
         }
 
         private void named() {
-            int who = program.find(scanner.name);
+            int who = program.find(scanner.name());
             if (who == Program.NOBODY) {
-                program.note(FAULT_UNKNOWN, scanner.start);
+                program.note(FAULT_UNKNOWN, scanner.start());
                 push(NUMBER, 0, 1);
             } else if (who < INPUT_BITS) {
                 push(INPUT, who, program.inputWidths[who]);
@@ -899,7 +935,6 @@ public final class ProofHall {
                 widths[widthTop] = bits;
                 widthTop++;
             }
-            scanner.advance();
         }
 
         private void deepen(int sign) {
@@ -922,7 +957,7 @@ public final class ProofHall {
         /** Goes on behind an operand: whether another one is due. */
         private boolean follow() {
             for (int n = 0; n <= TEXT_LIMIT; n++) {
-                int kind = scanner.kind;
+                int kind = scanner.kind();
                 if (kind >= OR_ELSE && kind <= REST) {
                     reduce(STRENGTH[kind]);
                     pushSign(kind);
@@ -982,9 +1017,7 @@ public final class ProofHall {
             int widest = Math.max(first, Math.max(second, third));
             int outcome = OUTCOME[what] == ONE_BIT ? 1 : OUTCOME[what] == OF_FIRST ? first
                 : OUTCOME[what] == OF_BRANCHES ? Math.max(second, third) : widest;
-            widths[widthTop] = outcome;
-            widthTop++;
-            program.addItem(what, 0, outcome);
+            push(what, 0, outcome);
             int price = PRICE[what] == SQUARED ? widest * widest : PRICE[what] == FOURFOLD ? 4 * widest : widest;
             work = Math.min(work + price, WORK_LIMIT + 1);
         }
@@ -1145,8 +1178,8 @@ public final class ProofHall {
      * and one more if it denies it; gate 0 is the constant.
      */
     private static final class Circuit {
-        /** WORK is at most four gates a unit; what costs none ('while 0') adds a few thousand. */
-        static final int GATES = 12_000;
+        /** Division makes most gates, up to four for a unit of WORK, which are 6000 in all. */
+        static final int GATES = 8192;
         private static final int BUCKETS = 8192;
 
         static final int LEAF = 0;
@@ -1713,7 +1746,6 @@ public final class ProofHall {
 
         void open() {
             encoder.dropQuestion();
-            found = false;
             rootCount = 0;
             demands = 0;
         }
@@ -1740,8 +1772,7 @@ public final class ProofHall {
             }
         }
 
-        /** Looks for the least INPUTS as demanded. */
-        void settle() {
+        void pose() {
             solver.begin(encoder.circuit(), roots, rootCount);
             for (int i = 0; i < program.inputs; i++) {
                 for (int bit = program.inputWidths[i] - 1; bit >= 0; bit--) {
@@ -1752,10 +1783,10 @@ public final class ProofHall {
                 row[0] = roots[i];
                 solver.require(row, 1);
             }
-            look();
         }
 
-        private void look() {
+        /** Looks for the least INPUTS as demanded, and as required since. */
+        void look() {
             found = solver.search();
             if (!found) {
                 return;
@@ -1793,7 +1824,8 @@ public final class ProofHall {
             for (int i = 0; i < BITS; i++) {
                 concern(encoder.state[v * BITS + i]);
             }
-            settle();
+            pose();
+            look();
             int all = mask(program.variableWidths[v]);
             int best = -1;
             for (int n = 0; n <= all && found; n++) {
@@ -1830,7 +1862,8 @@ public final class ProofHall {
         int tally() {
             open();
             demand(encoder.guard);
-            settle();
+            pose();
+            look();
             int n = verdict(trial.outcome == ENDED);
             while (found && n < ENDS_COUNTED) {
                 requireOther();
@@ -1861,9 +1894,10 @@ public final class ProofHall {
     private static final class Clauses {
         static final int NONE = 0;
         static final int HEAD = 3;
-        private static final int MEMORY = 400_000;
+        /** Gates take some 22 places each, 8192 of them less than two thirds of it. */
+        private static final int MEMORY = 300_000;
         /** For 4096 far cuts of 12 literals, and all that questions require while they go on. */
-        private static final int FAR_ROOM = 100_000;
+        private static final int FAR_ROOM = 90_000;
 
         final int[] memory = new int[MEMORY];
         final int[] watchers = new int[2 * Circuit.GATES];
@@ -1921,9 +1955,6 @@ public final class ProofHall {
                     put(out ^ 1, a ^ 1, b);
                     put(out, a, c ^ 1);
                     put(out ^ 1, a, c);
-                    // These two follow, but tell the outcome while the test is open.
-                    put(out, b ^ 1, c ^ 1);
-                    put(out ^ 1, b, c);
                     break;
                 default:
                     break;
@@ -1972,7 +2003,7 @@ public final class ProofHall {
         }
 
         /** Whether each clause has a literal that holds. */
-        boolean allHold(byte[] values) {
+        boolean allHold(int[] values) {
             int clause = 1;
             while (clause < top) {
                 int last = clause + HEAD + memory[clause];
@@ -2061,9 +2092,9 @@ public final class ProofHall {
      * from each clash. So the first model is the least: a bit is 1 only if those before it force it.
      */
     private static final class Solver {
-        static final byte HOLDS = 1;
-        private static final byte DENIED = -1;
-        private static final byte FREE = 0;
+        static final int HOLDS = 1;
+        private static final int DENIED = -1;
+        private static final int FREE = 0;
         private static final int NONE = Clauses.NONE;
         private static final int FULFILLED = -1;
         /** Far above 4096 clashes, some ten decisions each, for every bit that can be learned. */
@@ -2071,7 +2102,7 @@ public final class ProofHall {
 
         private final Clauses clauses = new Clauses();
         private final Checker checker = new Checker();
-        private final byte[] values = new byte[2 * Circuit.GATES];
+        private final int[] values = new int[2 * Circuit.GATES];
         private final int[] levels = new int[Circuit.GATES];
         private final int[] reasons = new int[Circuit.GATES];
         private final int[] trail = new int[Circuit.GATES];
@@ -2084,7 +2115,7 @@ public final class ProofHall {
         private int wishCount;
         /** A clause that clashed when it was required. */
         private int clash;
-        private final byte[] seen = new byte[Circuit.GATES];
+        private final int[] seen = new int[Circuit.GATES];
         private final int[] learned = new int[Circuit.GATES];
         private int learnedSize;
         private final int[] hints = new int[Circuit.GATES];

@@ -1,50 +1,21 @@
-import java.util.NoSuchElementException;
 import java.util.Random;
-import java.util.function.IntSupplier;
 
 /** Holds the program against the reference, call by call, over programs written by chance. */
 public final class FuzzTest {
-    private static int wrong = 0;
-    private static long calls = 0;
     private static String text = "";
 
-    private static long outcome(IntSupplier call) {
-        try {
-            return call.getAsInt();
-        } catch (IllegalStateException e) {
-            return Long.MIN_VALUE;
-        } catch (NoSuchElementException e) {
-            return Long.MIN_VALUE + 1;
-        } catch (IndexOutOfBoundsException e) {
-            return Long.MIN_VALUE + 2;
-        } catch (IllegalArgumentException e) {
-            return Long.MIN_VALUE + 3;
-        }
+    private static void same(String call, java.util.function.IntSupplier got, java.util.function.IntSupplier want) {
+        Hall.same(call + " of " + text, got, want);
     }
 
-    private static void same(String call, IntSupplier got, IntSupplier want) {
-        long g = outcome(got);
-        long w = outcome(want);
-        calls++;
-        if (g != w) {
-            wrong++;
-            System.out.println(call + " answered " + g + ", due is " + w + " for: " + text);
+    private static void feed(ProofHall hall, Reference reference) {
+        byte[] bytes = Hall.bytes(text);
+        for (int i = 0; i < bytes.length; i += 20) {
+            int[] n = Hall.five(bytes, i);
+            same("feed", () -> hall.feed(n[0], n[1], n[2], n[3], n[4]),
+                () -> reference.feed(n[0], n[1], n[2], n[3], n[4]));
         }
-    }
-
-    private static void feed(ProofHall hall, Reference reference, String s) {
-        byte[] bytes = s.getBytes(java.nio.charset.StandardCharsets.ISO_8859_1);
-        int n = (bytes.length + 19) / 20;
-        for (int i = 0; i < n; i++) {
-            int[] five = new int[5];
-            for (int j = 0; j < 20; j++) {
-                int at = i * 20 + j;
-                five[j / 4] = five[j / 4] << 8 | (at < bytes.length ? bytes[at] & 255 : 0);
-            }
-            same("feed", () -> hall.feed(five[0], five[1], five[2], five[3], five[4]),
-                () -> reference.feed(five[0], five[1], five[2], five[3], five[4]));
-        }
-        int rest = n * 20 - bytes.length;
+        int rest = (20 - bytes.length % 20) % 20;
         same("end", () -> hall.end(rest), () -> reference.end(rest));
     }
 
@@ -61,11 +32,6 @@ public final class FuzzTest {
             same("witness(" + what + ")", () -> hall.witness(what), () -> reference.witness(what));
         }
         same("count(8)", () -> hall.count(8), () -> reference.count(8));
-    }
-
-    private static int nothing(Runnable call) {
-        call.run();
-        return 0;
     }
 
     private static void question(ProofHall hall, Reference reference, Random random) {
@@ -96,10 +62,10 @@ public final class FuzzTest {
                 same("ends", hall::ends, reference::ends);
                 break;
             case 7:
-                same("set", () -> nothing(() -> hall.set(k, x)), () -> nothing(() -> reference.set(k, x)));
+                same("set", () -> Hall.nothing(() -> hall.set(k, x)), () -> Hall.nothing(() -> reference.set(k, x)));
                 break;
             default:
-                same("take", () -> nothing(hall::take), () -> nothing(reference::take));
+                same("take", () -> Hall.nothing(hall::take), () -> Hall.nothing(reference::take));
                 same("run", hall::run, reference::run);
                 same("value " + v, () -> hall.value(v), () -> reference.value(v));
                 break;
@@ -107,36 +73,36 @@ public final class FuzzTest {
         witnesses(hall, reference);
     }
 
+    /** Arguments, if any: how many objects, the seed, and 'heavy' for much arithmetic on 12 bits. */
     public static void main(String[] args) {
-        int objects = args.length > 0 ? Integer.parseInt(args[0]) : 300;
-        long seed = args.length > 1 ? Long.parseLong(args[1]) : 1;
-        boolean heavy = args.length > 2;
+        if (args.length > 0) {
+            go(Integer.parseInt(args[0]), Long.parseLong(args[1]), args.length > 2);
+        } else {
+            go(300, 1, false);
+            go(40, 2, true);
+        }
+        Hall.finish();
+    }
+
+    private static void go(int objects, long seed, boolean heavy) {
         Random random = new Random(seed);
         Programs programs = new Programs(seed, heavy);
-        int built = 0;
         for (int n = 0; n < objects; n++) {
             ProofHall hall = new ProofHall();
             Reference reference = new Reference();
             for (int round = 0; round < 4; round++) {
                 text = random.nextInt(4) == 0 ? programs.spoiled() : programs.program();
-                if (text.length() > 4000) {
+                if (text.length() > 1200) {
                     continue;
                 }
-                feed(hall, reference, text);
-                int before = reference.count(1);
+                feed(hall, reference);
                 same("build", hall::build, reference::build);
-                built += reference.count(6) > 0 ? 1 : 0;
                 counts(hall, reference);
                 for (int q = 0; q < 12; q++) {
-                    long t = System.nanoTime();
                     question(hall, reference, random);
                 }
                 counts(hall, reference);
             }
-        }
-        System.out.println(calls + " calls over " + built + " programs built, " + wrong + " wrong");
-        if (wrong != 0) {
-            System.exit(1);
         }
     }
 }

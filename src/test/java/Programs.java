@@ -29,7 +29,7 @@ final class Programs {
         int bits = heavy ? 12 : upTo(13);
         while (bits > 0) {
             int w = Math.min(bits, 1 + upTo(8));
-            b.append("input i").append((char) ('a' + inputs)).append(':').append(w).append(";");
+            b.append("input n").append((char) ('a' + inputs)).append(':').append(w).append(";");
             inputs++;
             bits -= w;
         }
@@ -98,7 +98,7 @@ final class Programs {
             if (inputs + variables == 0 || upTo(4) == 0) {
                 b.append(upTo(3) == 0 ? upTo(256) : upTo(8));
             } else if (who < inputs) {
-                b.append('i').append((char) ('a' + who));
+                b.append('n').append((char) ('a' + who));
             } else {
                 b.append('v').append((char) ('a' + who - inputs));
             }
