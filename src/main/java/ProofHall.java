@@ -307,6 +307,13 @@ public final class ProofHall {
         return (1 << width) - 1;
     }
 
+    /** Rows are longer than most questions need, so only what is in use is cleared. */
+    private static void wipe(int[] row, int used) {
+        for (int i = 0; i < used && i < row.length; i++) {
+            row[i] = 0;
+        }
+    }
+
     /** Holds TEXT and cuts it into tokens. */
     private static final class Scanner {
         private static final int NAME_LIMIT = 8;
@@ -1329,7 +1336,7 @@ public final class ProofHall {
         }
 
         private void leave(int at, int literal) {
-            Arrays.fill(bits, at, at + BITS, FALSE);
+            loadNumber(at, 0);
             bits[at] = literal;
         }
 
@@ -1908,7 +1915,7 @@ public final class ProofHall {
 
         void clear(int gates) {
             top = 1;
-            Arrays.fill(watchers, 0, 2 * gates, NONE);
+            wipe(watchers, 2 * gates);
         }
 
         /** Whether as much as a clause of all gates could still be learned without the far room. */
@@ -1918,7 +1925,7 @@ public final class ProofHall {
 
         /** Writes the gates on which the roots hang, and no others. */
         void write(Circuit circuit, int[] roots, int rootCount) {
-            Arrays.fill(marked, 0, circuit.size, 0);
+            wipe(marked, circuit.size);
             for (int i = 0; i < rootCount; i++) {
                 marked[roots[i] >> 1] = 1;
             }
@@ -2031,7 +2038,7 @@ public final class ProofHall {
         int wrong;
 
         void clear(int gates) {
-            Arrays.fill(proved, 0, 2 * gates, 0);
+            wipe(proved, 2 * gates);
             proved[TRUE] = 1;
         }
 
@@ -2133,7 +2140,7 @@ public final class ProofHall {
             clauses.clear(circuit.size);
             clauses.write(circuit, roots, rootCount);
             checker.clear(circuit.size);
-            Arrays.fill(values, 0, 2 * circuit.size, FREE);
+            wipe(values, 2 * circuit.size);
             trailSize = 0;
             done = 0;
             noted = 0;
@@ -2268,30 +2275,24 @@ public final class ProofHall {
         private int visit(int gone) {
             int[] memory = clauses.memory;
             int[] watchers = clauses.watchers;
-            int before = NONE;
+            int cameBy = NONE;
             int clause = watchers[gone];
             for (int n = 0; clause != NONE && n < memory.length; n++) {
-                int other = memory[clause + 3];
-                if (other == gone) {
-                    other = memory[clause + 4];
-                    memory[clause + 3] = other;
-                    memory[clause + 4] = gone;
-                    int link = memory[clause + 1];
-                    memory[clause + 1] = memory[clause + 2];
-                    memory[clause + 2] = link;
-                }
-                int next = memory[clause + 2];
+                int place = memory[clause + Clauses.HEAD] == gone ? 0 : 1;
+                int other = memory[clause + Clauses.HEAD + 1 - place];
+                int link = clause + 1 + place;
+                int next = memory[link];
                 int at = values[other] == HOLDS ? NONE : replacement(clause);
                 if (at != NONE) {
                     int literal = memory[at];
                     memory[at] = gone;
-                    memory[clause + 4] = literal;
-                    memory[clause + 2] = watchers[literal];
+                    memory[clause + Clauses.HEAD + place] = literal;
+                    memory[link] = watchers[literal];
                     watchers[literal] = clause;
-                    if (before == NONE) {
+                    if (cameBy == NONE) {
                         watchers[gone] = next;
                     } else {
-                        memory[before + 2] = next;
+                        memory[cameBy] = next;
                     }
                 } else {
                     if (values[other] == DENIED) {
@@ -2300,7 +2301,7 @@ public final class ProofHall {
                     if (values[other] == FREE) {
                         assign(other, clause);
                     }
-                    before = clause;
+                    cameBy = link;
                 }
                 clause = next;
             }

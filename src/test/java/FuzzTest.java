@@ -80,6 +80,7 @@ public final class FuzzTest {
         } else {
             go(300, 1, false);
             go(40, 2, true);
+            goDeep(1500, 3);
         }
         Hall.finish();
     }
@@ -103,6 +104,20 @@ public final class FuzzTest {
                 }
                 counts(hall, reference);
             }
+        }
+    }
+
+    private static void goDeep(int objects, long seed) {
+        Programs programs = new Programs(seed, false);
+        for (int n = 0; n < objects; n++) {
+            ProofHall hall = new ProofHall();
+            Reference reference = new Reference();
+            text = programs.deep();
+            feed(hall, reference);
+            same("build", hall::build, reference::build);
+            same("count(1)", () -> hall.count(1), () -> reference.count(1));
+            same("count(2)", () -> hall.count(2), () -> reference.count(2));
+            same("count(6)", () -> hall.count(6), () -> reference.count(6));
         }
     }
 }

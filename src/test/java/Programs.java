@@ -143,4 +143,74 @@ final class Programs {
         }
         return b.toString();
     }
+
+    /** Constructs of all kinds one in another, about as deep as can be. */
+    String deep() {
+        StringBuilder open = new StringBuilder("var x:1;");
+        StringBuilder close = new StringBuilder();
+        int whole = 27 + upTo(7);
+        int outside = upTo(whole + 1);
+        for (int n = 0; n < outside; n++) {
+            nestStatement(open, close);
+        }
+        open.append(upTo(9) == 0 ? "{}" : "x=");
+        close.insert(0, ";");
+        for (int n = outside; n < whole; n++) {
+            nestExpr(open, close);
+        }
+        return open.append(upTo(30) == 0 ? "" : "x").append(close).toString();
+    }
+
+    private void nestStatement(StringBuilder open, StringBuilder close) {
+        switch (upTo(6)) {
+            case 0:
+                open.append("{");
+                close.insert(0, "}");
+                break;
+            case 1:
+                open.append("if(x)");
+                break;
+            case 2:
+                open.append("if(x)");
+                close.insert(0, "else x=!x;");
+                break;
+            case 3:
+                open.append("if(x){}else ");
+                break;
+            case 4:
+                open.append("while 0(x)");
+                break;
+            default:
+                open.append("{x=x;");
+                close.insert(0, "x=(x);}");
+                break;
+        }
+    }
+
+    private void nestExpr(StringBuilder open, StringBuilder close) {
+        switch (upTo(6)) {
+            case 0:
+                open.append("x*(");
+                close.insert(0, ")^x");
+                break;
+            case 1:
+                open.append("!~-".charAt(upTo(3)));
+                break;
+            case 2:
+                open.append("x?");
+                close.insert(0, ":x");
+                break;
+            case 3:
+                open.append("x?x:");
+                break;
+            case 4:
+                open.append("(x?");
+                close.insert(0, ":(x))");
+                break;
+            default:
+                open.append("x&x+(");
+                close.insert(0, ")");
+                break;
+        }
+    }
 }
