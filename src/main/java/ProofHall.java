@@ -376,7 +376,7 @@ public final class ProofHall {
             }
         }
 
-        /** Cuts all of TEXT; what begins no token is one too, a BAD one, as only the first in the way matters. */
+        /** What begins no token is one too, a BAD one: it matters only if the parser comes to it. */
         void cut() {
             at = 0;
             tokens = 0;
@@ -387,7 +387,8 @@ public final class ProofHall {
                 }
                 starts[tokens] = at;
                 contents[tokens] = 0;
-                kinds[tokens] = at >= length ? FINISH : isLetter(at) ? word() : isDigit(at) ? digits() : sign();
+                kinds[tokens] = at >= length ? FINISH : isLetter(text[at]) ? word()
+                    : isDigit(text[at]) ? digits() : sign();
                 tokens++;
                 if (kinds[tokens - 1] == FINISH) {
                     return;
@@ -395,18 +396,18 @@ public final class ProofHall {
             }
         }
 
-        private boolean isLetter(int i) {
-            return i < length && text[i] >= 'a' && text[i] <= 'z';
+        private static boolean isLetter(int sign) {
+            return sign >= 'a' && sign <= 'z';
         }
 
-        private boolean isDigit(int i) {
-            return i < length && text[i] >= '0' && text[i] <= '9';
+        private static boolean isDigit(int sign) {
+            return sign >= '0' && sign <= '9';
         }
 
         private int word() {
             long letters = 0;
             int start = at;
-            while (isLetter(at)) {
+            while (at < length && isLetter(text[at])) {
                 letters = letters * 32 + (text[at] - 'a' + 1);
                 at++;
             }
@@ -424,7 +425,7 @@ public final class ProofHall {
 
         private int digits() {
             int number = 0;
-            while (isDigit(at)) {
+            while (at < length && isDigit(text[at])) {
                 // Held just above the limit, so that a long row of digits can't wrap around.
                 number = Math.min(number * 10 + (text[at] - '0'), NUMBER_LIMIT + 1);
                 at++;
@@ -618,15 +619,6 @@ public final class ProofHall {
             goal[step] = 0;
             steps++;
             return step;
-        }
-
-        void addItem(int what, int number, int bits) {
-            if (items < TEXT_LIMIT) {
-                operation[items] = what;
-                operand[items] = number;
-                width[items] = bits;
-                items++;
-            }
         }
     }
 
@@ -937,11 +929,16 @@ public final class ProofHall {
         }
 
         private void push(int what, int number, int bits) {
-            program.addItem(what, number, bits);
-            if (widthTop < STACK) {
-                widths[widthTop] = bits;
-                widthTop++;
+            if (widthTop >= STACK || program.items >= TEXT_LIMIT) {
+                return;
             }
+            widths[widthTop] = bits;
+            widthTop++;
+            int item = program.items;
+            program.operation[item] = what;
+            program.operand[item] = number;
+            program.width[item] = bits;
+            program.items++;
         }
 
         private void deepen(int sign) {
@@ -994,7 +991,7 @@ public final class ProofHall {
 
         /** Applies what waits and holds as tightly as told, or more so. */
         private void reduce(int least) {
-            while (topSign() >= OR_ELSE && topSign() <= NEGATE && STRENGTH[topSign()] >= least) {
+            while (signTop > 0 && topSign() <= NEGATE && STRENGTH[topSign()] >= least) {
                 if (topSign() >= NOT) {
                     depth--;
                 }
@@ -1005,7 +1002,7 @@ public final class ProofHall {
 
         /** A '?' whose ':' has been read ends where its last EXPR does. */
         private void reduceChoices() {
-            while (topSign() == COLON) {
+            while (signTop > 0 && topSign() == COLON) {
                 apply(CHOOSE);
                 signTop--;
                 depth--;
@@ -1871,14 +1868,14 @@ public final class ProofHall {
             demand(encoder.guard);
             pose();
             look();
-            int n = verdict(trial.outcome == ENDED);
-            while (found && n < ENDS_COUNTED) {
+            int ended = verdict(trial.outcome == ENDED);
+            for (int n = 1; n < ENDS_COUNTED && found; n++) {
                 requireOther();
                 look();
-                n += verdict(trial.outcome == ENDED);
+                ended += verdict(trial.outcome == ENDED);
             }
             found = false;
-            return n;
+            return ended;
         }
 
         private void requireOther() {
@@ -2104,7 +2101,7 @@ public final class ProofHall {
         private static final int FREE = 0;
         private static final int NONE = Clauses.NONE;
         private static final int FULFILLED = -1;
-        /** Far above 4096 clashes, some ten decisions each, for every bit that can be learned. */
+        /** Far above the clashes of 4096 far cuts and all near ones for which there is room. */
         private static final int ROUNDS = 4_000_000;
 
         private final Clauses clauses = new Clauses();
@@ -2264,7 +2261,7 @@ public final class ProofHall {
         /** Draws all conclusions; answers the clause that clashes, or NONE. */
         private int propagate() {
             int clashed = NONE;
-            while (clashed == NONE && done < trailSize) {
+            while (clashed == NONE && done < trailSize && done < Circuit.GATES) {
                 clashed = visit(trail[done] ^ 1);
                 done++;
             }
