@@ -1182,8 +1182,13 @@ public final class ProofHall {
      * and one more if it denies it; gate 0 is the constant.
      */
     private static final class Circuit {
-        /** Division makes most gates, up to four for a unit of WORK, which are 6000 in all. */
-        static final int GATES = 8192;
+        /**
+         * An operation makes at most three gates for a unit of its WORK, its truth one more: 6000.
+         * An if makes three: without VARIABLES it has no WORK, but five bytes, so there are 819. With
+         * them its WORK is 8, and it may have 39 times 'while 0' of a NAME in and behind it, of one
+         * gate each: then it's 42 for 8, 7875 in all. So 8500 are never made.
+         */
+        static final int GATES = 10_240;
         private static final int BUCKETS = 8192;
 
         static final int LEAF = 0;
@@ -1319,7 +1324,7 @@ public final class ProofHall {
     private static final class Words {
         final Circuit circuit = new Circuit();
         final int[] bits = new int[STACK * BITS];
-        private final int[] scratch = new int[BITS + 1];
+        private final int[] scratch = new int[BITS];
         private final int[] lessened = new int[BITS];
 
         void load(int at, int[] row, int from) {
@@ -1339,11 +1344,16 @@ public final class ProofHall {
 
         /** Whether the number isn't 0. */
         int truth(int at) {
+            return none(at, BITS) ^ 1;
+        }
+
+        /** Whether no bit is 1, highest first, as a divisor's are asked for. */
+        private int none(int at, int size) {
             int none = TRUE;
-            for (int i = 0; i < BITS; i++) {
+            for (int i = size - 1; i >= 0; i--) {
                 none = circuit.and(none, bits[at + i] ^ 1);
             }
-            return none ^ 1;
+            return none;
         }
 
         void single(int what, int a, int width) {
@@ -1475,17 +1485,11 @@ public final class ProofHall {
         private void divide(int what, int a, int b, int width) {
             Arrays.fill(scratch, FALSE);
             for (int row = width - 1; row >= 0; row--) {
-                System.arraycopy(scratch, 0, scratch, 1, width);
+                System.arraycopy(scratch, 0, scratch, 1, BITS - 1);
                 scratch[0] = bits[a + row];
-                int fits = TRUE;
-                for (int i = 0; i < width; i++) {
-                    int x = scratch[i];
-                    int half = circuit.xor(x, bits[b + i] ^ 1);
-                    lessened[i] = circuit.xor(half, fits);
-                    fits = circuit.pick(half, fits, x);
-                }
-                fits = circuit.or(fits, scratch[width]);
-                for (int i = 0; i < width; i++) {
+                int used = width - row;
+                int fits = circuit.and(lessen(b, used), none(b + used, width - used));
+                for (int i = 0; i < used; i++) {
                     scratch[i] = circuit.pick(fits, lessened[i], scratch[i]);
                 }
                 bits[a + row] = fits;
@@ -1493,6 +1497,18 @@ public final class ProofHall {
             if (what == REST) {
                 System.arraycopy(scratch, 0, bits, a, width);
             }
+        }
+
+        /** Takes the divisor's lowest bits from the rest, which has no more yet; whether it's enough. */
+        private int lessen(int b, int used) {
+            int enough = TRUE;
+            for (int i = 0; i < used; i++) {
+                int x = scratch[i];
+                int half = circuit.xor(x, bits[b + i] ^ 1);
+                lessened[i] = circuit.xor(half, enough);
+                enough = circuit.pick(half, enough, x);
+            }
+            return enough;
         }
 
         private void shift(int what, int a, int b, int width) {
@@ -1538,6 +1554,7 @@ public final class ProofHall {
 
         private final int[] otherState = new int[FRAMES * STATE];
         private final int[] otherGuard = new int[FRAMES];
+        private final int[] guardBefore = new int[FRAMES];
         private final int[] tests = new int[FRAMES];
         private int frames;
         private final int[] rounds = new int[FRAMES];
@@ -1693,6 +1710,7 @@ public final class ProofHall {
         private void fork(int condition) {
             System.arraycopy(state, 0, otherState, frames * STATE, STATE);
             otherGuard[frames] = words.circuit.and(guard, condition ^ 1);
+            guardBefore[frames] = guard;
             tests[frames] = condition;
             guard = words.circuit.and(guard, condition);
             frames++;
@@ -1718,8 +1736,15 @@ public final class ProofHall {
             for (int i = 0; i < STATE; i++) {
                 state[i] = words.circuit.pick(tests[frames], state[i], otherState[frames * STATE + i]);
             }
-            guard = words.circuit.or(guard, otherGuard[frames]);
+            guard = joined(guardBefore[frames], tests[frames]);
             deniedCount = 0;
+        }
+
+        /** Where no RUN stopped on either way, they all come here as before, which needs no gate. */
+        private int joined(int before, int test) {
+            boolean allHere = guard == words.circuit.and(before, test);
+            boolean allThere = otherGuard[frames] == words.circuit.and(before, test ^ 1);
+            return allHere && allThere ? before : words.circuit.or(guard, otherGuard[frames]);
         }
     }
 
@@ -1898,10 +1923,10 @@ public final class ProofHall {
     private static final class Clauses {
         static final int NONE = 0;
         static final int HEAD = 3;
-        /** Gates take some 22 places each, 8192 of them less than two thirds of it. */
-        private static final int MEMORY = 300_000;
-        /** For 4096 far cuts of 12 literals, and all that questions require while they go on. */
+        /** For 4096 far cuts of 12 literals, and 255 times what must be less, of at most 88 places. */
         private static final int FAR_ROOM = 90_000;
+        /** A gate takes at most 24 places; as many gates as there can be leave the far room free. */
+        private static final int MEMORY = 360_000;
 
         final int[] memory = new int[MEMORY];
         final int[] watchers = new int[2 * Circuit.GATES];
