@@ -1481,14 +1481,24 @@ public final class ProofHall {
             System.arraycopy(scratch, 0, bits, a, BITS);
         }
 
-        /** By hand, highest bit first; a divisor of 0 always fits, which gives what is due for it. */
+        /**
+         * By hand, highest bit first; a divisor of 0 always fits, which gives what is due for it. The
+         * rest has no more bits than have come down, so the divisor's others must be 0.
+         */
         private void divide(int what, int a, int b, int width) {
             Arrays.fill(scratch, FALSE);
             for (int row = width - 1; row >= 0; row--) {
+                int used = width - row;
                 System.arraycopy(scratch, 0, scratch, 1, BITS - 1);
                 scratch[0] = bits[a + row];
-                int used = width - row;
-                int fits = circuit.and(lessen(b, used), none(b + used, width - used));
+                int fits = TRUE;
+                for (int i = 0; i < used; i++) {
+                    int x = scratch[i];
+                    int half = circuit.xor(x, bits[b + i] ^ 1);
+                    lessened[i] = circuit.xor(half, fits);
+                    fits = circuit.pick(half, fits, x);
+                }
+                fits = circuit.and(fits, none(b + used, width - used));
                 for (int i = 0; i < used; i++) {
                     scratch[i] = circuit.pick(fits, lessened[i], scratch[i]);
                 }
@@ -1497,18 +1507,6 @@ public final class ProofHall {
             if (what == REST) {
                 System.arraycopy(scratch, 0, bits, a, width);
             }
-        }
-
-        /** Takes the divisor's lowest bits from the rest, which has no more yet; whether it's enough. */
-        private int lessen(int b, int used) {
-            int enough = TRUE;
-            for (int i = 0; i < used; i++) {
-                int x = scratch[i];
-                int half = circuit.xor(x, bits[b + i] ^ 1);
-                lessened[i] = circuit.xor(half, enough);
-                enough = circuit.pick(half, enough, x);
-            }
-            return enough;
         }
 
         private void shift(int what, int a, int b, int width) {

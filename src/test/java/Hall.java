@@ -12,6 +12,8 @@ final class Hall {
 
     private static int wrong = 0;
     private static long checked = 0;
+    private static int sentences = 0;
+    private static String sentence = "";
 
     private Hall() {
     }
@@ -84,8 +86,43 @@ final class Hall {
         checked++;
         if (got != want) {
             wrong++;
-            System.out.println(what + ": answered " + told(got) + ", due is " + told(want));
+            System.out.println(sentence + what + ": answered " + told(got) + ", due is " + told(want));
         }
+    }
+
+    /** The test of one sentence of the document. */
+    static void sentence(String words, Runnable test) {
+        sentence = "\"" + words + "\": ";
+        sentences++;
+        test.run();
+        sentence = "";
+    }
+
+    private static String shown(String text) {
+        return text.length() > 90 ? text.substring(0, 50) + " .. " + text.substring(text.length() - 30) : text;
+    }
+
+    /** The text has such a fault there, and is refused. */
+    static void fault(String text, int kind, int where) {
+        ProofHall hall = new ProofHall();
+        feed(hall, text);
+        due("build of " + shown(text), hall::build, REFUSED);
+        due("fault of " + shown(text), () -> hall.count(1), kind);
+        due("where in " + shown(text), () -> hall.count(2), where);
+    }
+
+    /** The text has a fault where the $ stands, which is none of its bytes. */
+    static void faultAt(String text, int kind) {
+        int at = text.indexOf('$');
+        fault(text.substring(0, at) + text.substring(at + 1), kind, at);
+    }
+
+    static void good(String text) {
+        ProofHall hall = new ProofHall();
+        feed(hall, text);
+        due("build of " + shown(text), () -> Math.min(0, hall.build()), 0);
+        due("no fault in " + shown(text), () -> hall.count(1), 0);
+        due("nowhere in " + shown(text), () -> hall.count(2), -1);
     }
 
     static void same(String what, IntSupplier call, IntSupplier reference) {
@@ -93,7 +130,7 @@ final class Hall {
     }
 
     static void finish() {
-        System.out.println(checked + " answers looked at, " + wrong + " wrong");
+        System.out.println((sentences > 0 ? sentences + " sentences, " : "") + checked + " answers looked at, " + wrong + " wrong");
         if (wrong != 0 || checked == 0) {
             System.exit(1);
         }

@@ -147,19 +147,11 @@ public final class PromiseTest {
     }
 
     private static void fault(String text, int kind, int where) {
-        ProofHall hall = new ProofHall();
-        Hall.feed(hall, text);
-        String shown = text.length() > 90 ? text.substring(0, 90) + ".." : text;
-        due("4: build of " + shown, hall::build, kind == 0 ? Hall.outcome(() -> hall.count(5)) : Hall.REFUSED);
-        due("4: fault of " + shown, () -> hall.count(1), kind);
-        due("4: where in " + shown, () -> hall.count(2), where);
+        Hall.fault(text, kind, where);
     }
 
     private static void good(String text) {
-        ProofHall hall = new ProofHall();
-        Hall.feed(hall, text);
-        due("4: no fault in " + text, () -> Math.min(0, hall.build()), 0);
-        due("4: no fault in " + text, () -> hall.count(1), 0);
+        Hall.good(text);
     }
 
     /** Fault 1 of promise 4. */
