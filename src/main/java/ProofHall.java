@@ -1486,7 +1486,6 @@ public final class ProofHall {
          * rest has no more bits than have come down, so the divisor's others must be 0.
          */
         private void divide(int what, int a, int b, int width) {
-            Arrays.fill(scratch, FALSE);
             for (int row = width - 1; row >= 0; row--) {
                 int used = width - row;
                 System.arraycopy(scratch, 0, scratch, 1, BITS - 1);

@@ -417,6 +417,7 @@ public final class BoundaryTest {
     private static void builds() {
         Hall.sentence("4: TEXT is the PROGRAM now", BoundaryTest::programNow);
         Hall.sentence("4: TEXT is the PROGRAM now, also behind a FAULT", BoundaryTest::behindFaults);
+        Hall.sentence("4: TEXT is the PROGRAM now, also behind a full one", BoundaryTest::behindFull);
         Hall.sentence("4: TEXT is empty then, whatever happens", BoundaryTest::emptyThen);
         Hall.sentence("4: A FAULT: the one before stays, with its INPUTS, WITNESS and RUN", BoundaryTest::oneBeforeStays);
         Hall.sentence("4: INPUTS are 0, there's no WITNESS, no RUN", BoundaryTest::allAnew);
@@ -494,6 +495,28 @@ public final class BoundaryTest {
                 due("value behind " + text, () -> hall.value(0), 7);
                 due("fails behind " + text, hall::fails, 1);
             }
+        }
+    }
+
+    /** Nor how much of it there was: two full ones behind one another. */
+    private static void behindFull() {
+        String[] full = {"assert 1" + "+1".repeat(2035), "{" + "{}".repeat(2035), "if(1){}".repeat(580) + "{",
+            "while0(0){" + "assert0;".repeat(505), "assert " + "!".repeat(29) + "1" + "&&!!1".repeat(800)};
+        for (String text : full) {
+            ProofHall hall = new ProofHall();
+            Hall.feed(hall, text);
+            due("a full TEXT with a fault", hall::build, Hall.REFUSED);
+            due("at its end", () -> hall.count(2), text.length());
+            String again = "input a:1;var x:1;x=a" + "^a".repeat(1400) + ";assert x==a;" + "while0(0){}".repeat(60);
+            Hall.feed(hall, again);
+            due("a long one behind it", hall::build, 1);
+            due("its WORK", () -> hall.count(6), 1400 + 8 + 8 + 1);
+            set(hall, 0, 1, 0);
+            due("its run", hall::run, 0);
+            due("a ^ a .. ^ a", () -> hall.value(0), 1);
+            due("no RUN fails", hall::fails, 0);
+            due("both END", hall::ends, 2);
+            due("count(9)", () -> hall.count(9), 0);
         }
     }
 

@@ -76,9 +76,70 @@ public final class CheckerTest {
         refuses("a fact that was refused is no fact", 2, chain, new int[] {A}, none, new int[] {B}, new int[] {0});
         refuses("a hint that tells nothing", 1, new int[][] {{A, B, C}}, new int[] {A}, new int[] {0});
         models();
+        forgets();
+        questions();
         System.out.println(wrong == 0 ? "the checker refuses what it must" : wrong + " wrong");
         if (wrong != 0) {
             System.exit(1);
+        }
+    }
+
+    private static Object checkerOf(ProofHall hall) throws ReflectiveOperationException {
+        return part(part(part(hall, "inquiry"), "solver"), "checker");
+    }
+
+    private static void must(boolean so, String what) {
+        if (!so) {
+            wrong++;
+            System.out.println(what);
+        }
+    }
+
+    /** Questions have their steps checked, those to a "no" and those to the least INPUTS, each by itself. */
+    private static void questions() throws ReflectiveOperationException {
+        ProofHall never = Hall.with("input a:6;input b:6;assert a*b==b*a;assert (a+b)*(a+b)==a*a+b*b+(a*b<<1);");
+        never.fails();
+        int steps = (Integer) part(checkerOf(never), "step");
+        must(steps >= 1000, "a no of " + steps + " steps");
+        ProofHall some = Hall.with("input a:6;input b:6;var x:6;x=a|b;");
+        some.can(0, 63);
+        // Six bits that must be 1, and six bits of INPUTS that have to be, as those before them are 0.
+        int least = (Integer) part(checkerOf(some), "step");
+        must(least >= 12, "least INPUTS of " + least + " steps");
+        ProofHall free = Hall.with("input a:4;input b:4;assert a+b!=9;");
+        free.fails();
+        int before = (Integer) part(checkerOf(free), "step");
+        free.fails();
+        must((Integer) part(checkerOf(free), "step") == 2 * before && before > 0, "each question has its own steps");
+        ProofHall other = Hall.with("input a:4;var x:4;x=a;");
+        for (int x = 0; x < 16; x++) {
+            other.can(0, x);
+            int[] proved = (int[]) part(checkerOf(other), "proved");
+            for (int literal = 0; literal < 200; literal += 2) {
+                must(proved[literal] + proved[literal + 1] <= 1, "what was proved of another question is left: " + literal);
+            }
+        }
+    }
+
+    /** What was proved for one question isn't for the next. */
+    private static void forgets() throws ReflectiveOperationException {
+        Object checker = made("Checker");
+        Object store = made("Clauses");
+        for (int round = 0; round < 2; round++) {
+            call(store, "clear", 100);
+            call(checker, "clear", 100);
+            int fact = (Integer) call(store, "add", new int[] {A}, 1);
+            int implies = (Integer) call(store, "add", new int[] {A ^ 1, B}, 2);
+            Object memory = part(store, "memory");
+            if (round == 0) {
+                call(checker, "check", memory, new int[] {A}, 1, new int[] {fact}, 1);
+            }
+            call(checker, "check", memory, new int[] {B}, 1, new int[] {implies}, 1);
+            int got = (Integer) part(checker, "wrong");
+            if (got != round) {
+                wrong++;
+                System.out.println("a fact of another question: " + got + " refused, due are " + round);
+            }
         }
     }
 

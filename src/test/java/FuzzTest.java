@@ -73,14 +73,17 @@ public final class FuzzTest {
         witnesses(hall, reference);
     }
 
-    /** Arguments, if any: how many objects, the seed, and 'heavy' for much arithmetic on 12 bits. */
+    /** Arguments, if any: how many objects, the seed, and 'heavy' for much arithmetic, 'full' for long texts. */
     public static void main(String[] args) {
-        if (args.length > 0) {
+        if (args.length > 2 && args[2].equals("full")) {
+            goFull(Integer.parseInt(args[0]), Long.parseLong(args[1]));
+        } else if (args.length > 0) {
             go(Integer.parseInt(args[0]), Long.parseLong(args[1]), args.length > 2);
         } else {
             go(300, 1, false);
             go(40, 2, true);
             goDeep(1500, 3);
+            goFull(12, 4);
         }
         Hall.finish();
     }
@@ -103,6 +106,24 @@ public final class FuzzTest {
                     question(hall, reference, random);
                 }
                 counts(hall, reference);
+            }
+        }
+    }
+
+    private static void goFull(int objects, long seed) {
+        Programs programs = new Programs(seed, false);
+        Random random = new Random(seed);
+        for (int n = 0; n < objects; n++) {
+            text = programs.full();
+            ProofHall hall = new ProofHall();
+            Reference reference = new Reference();
+            Hall.feed(hall, text);
+            reference.feedAll(text);
+            same("build", hall::build, reference::build);
+            same("count(6)", () -> hall.count(6), () -> reference.count(6));
+            for (int q = 0; q < 12; q++) {
+                question(hall, reference, random);
+                same("count(9)", () -> hall.count(9), () -> 0);
             }
         }
     }

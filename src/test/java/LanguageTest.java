@@ -1,4 +1,7 @@
+import java.io.File;
 import java.io.IOException;
+import java.io.PrintWriter;
+import java.io.StringWriter;
 import java.lang.reflect.Array;
 import java.lang.reflect.Constructor;
 import java.lang.reflect.Field;
@@ -9,11 +12,14 @@ import java.nio.file.Files;
 import java.nio.file.Path;
 import java.util.Arrays;
 import java.util.Collections;
+import java.util.HashMap;
 import java.util.IdentityHashMap;
+import java.util.Map;
 import java.util.Set;
 import java.util.TreeSet;
 import java.util.regex.Matcher;
 import java.util.regex.Pattern;
+import java.util.spi.ToolProvider;
 
 /** The face, and what of LANGUAGE.md can be read off the class and its source. */
 public final class LanguageTest {
@@ -48,6 +54,7 @@ public final class LanguageTest {
         face();
         classes();
         room();
+        callDepth();
         source(Files.readString(Path.of("src/main/java/ProofHall.java")));
         System.out.println(wrong == 0 ? "the face and the rules are kept" : wrong + " breaches");
         if (wrong != 0) {
@@ -152,6 +159,51 @@ public final class LanguageTest {
             }
         }
         return n;
+    }
+
+    /** Who calls whom, as javap tells it; none calls itself, and no chain is longer than eight. */
+    private static void callDepth() {
+        ToolProvider javap = ToolProvider.findFirst("javap").orElse(null);
+        must(javap != null, "rule 11: no javap to tell who calls whom");
+        File where = new File(ProofHall.class.getProtectionDomain().getCodeSource().getLocation().getPath());
+        Map<String, Set<String>> calls = new HashMap<>();
+        for (File f : where.listFiles()) {
+            if (javap != null && f.getName().matches("ProofHall(\\$.*)?\\.class")) {
+                StringWriter told = new StringWriter();
+                javap.run(new PrintWriter(told), new PrintWriter(told), "-p", "-c", f.getPath());
+                readCalls(f.getName().replace(".class", ""), told.toString(), calls);
+            }
+        }
+        must(calls.size() > 100, "rule 11: " + calls.size() + " methods");
+        for (String method : calls.keySet()) {
+            must(depth(method, calls, 0) <= 8, "rule 11: too deep from " + method);
+        }
+    }
+
+    private static void readCalls(String name, String told, Map<String, Set<String>> calls) {
+        Pattern head = Pattern.compile("^  [^ ].*?([\\w$.]+)\\(.*\\)( throws .*)?;$");
+        Pattern call = Pattern.compile("// Method (?:([\\w$]+)\\.)?(\\w+):");
+        Set<String> mine = new TreeSet<>();
+        for (String line : told.split("\n")) {
+            Matcher h = head.matcher(line);
+            Matcher c = call.matcher(line);
+            if (h.find()) {
+                mine = calls.computeIfAbsent(name + "." + h.group(1), k -> new TreeSet<>());
+            } else if (c.find()) {
+                mine.add((c.group(1) == null ? name : c.group(1)) + "." + c.group(2));
+            }
+        }
+    }
+
+    private static int depth(String method, Map<String, Set<String>> calls, int above) {
+        int deepest = 0;
+        if (above <= 20 && calls.containsKey(method)) {
+            for (String next : calls.get(method)) {
+                deepest = Math.max(deepest, depth(next, calls, above + 1));
+            }
+            return deepest + 1;
+        }
+        return above > 20 ? 99 : 0;
     }
 
     private static void source(String text) {

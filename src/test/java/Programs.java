@@ -124,6 +124,73 @@ final class Programs {
         }
     }
 
+    /** As much as goes in: into 4096 bytes, and into a WORK of 1500, which the reference tells. */
+    String full() {
+        StringBuilder b = new StringBuilder();
+        inputs = 0;
+        variables = 0;
+        for (int bits = 12; bits > 0; inputs++) {
+            int w = Math.min(bits, 1 + upTo(upTo(2) == 0 ? 8 : 2));
+            b.append("input n").append((char) ('a' + inputs)).append(':').append(w).append(";");
+            bits -= w;
+        }
+        for (int n = upTo(2) == 0 ? 0 : 1 + upTo(3); n > 0; n--) {
+            b.append("var v").append((char) ('a' + variables)).append(':').append(1 + upTo(8)).append(";");
+            variables++;
+        }
+        for (int n = 0; n < 250; n++) {
+            StringBuilder more = new StringBuilder();
+            if (upTo(3) == 0) {
+                statement(more, upTo(4));
+            } else {
+                cheap(more);
+            }
+            if (b.length() + more.length() <= 4096 && goes(b.toString() + more)) {
+                b.append(more);
+            }
+        }
+        return b.toString();
+    }
+
+    private static boolean goes(String text) {
+        Reference reference = new Reference();
+        reference.feedAll(text);
+        return Hall.outcome(reference::build) >= 0;
+    }
+
+    private String anyName() {
+        int who = upTo(inputs + variables);
+        return who < inputs ? "n" + (char) ('a' + who) : "v" + (char) ('a' + who - inputs);
+    }
+
+    /** What has little WORK or none. */
+    private void cheap(StringBuilder b) {
+        int n = upTo(2) == 0 ? upTo(27) : upTo(4);
+        for (int i = 0; i < n; i++) {
+            b.append(upTo(6) == 0 ? "if(!" : "if(").append(anyName()).append(")");
+            if (upTo(9) == 0) {
+                b.append("while0(").append(anyName()).append("){}else ");
+            }
+        }
+        if (upTo(5) == 0) {
+            b.append("while").append(upTo(9)).append("(").append(anyName()).append("==").append(upTo(9)).append(")");
+        }
+        switch (upTo(4)) {
+            case 0:
+                b.append("{}");
+                break;
+            case 1:
+                b.append("while0(").append(anyName()).append(">").append(upTo(250)).append("){}");
+                break;
+            case 2:
+                b.append("assert ").append(anyName()).append("!=").append(upTo(upTo(2) == 0 ? 250 : 9)).append(";");
+                break;
+            default:
+                b.append("while0(").append(anyName()).append("&&").append(anyName()).append("){}");
+                break;
+        }
+    }
+
     /** A program with a few pieces put in, left out or doubled. */
     String spoiled() {
         StringBuilder b = new StringBuilder(program());

@@ -121,6 +121,11 @@ final class Reference {
         return text.length;
     }
 
+    /** The text at once, without the calls for it. */
+    void feedAll(String all) {
+        text = Hall.bytes(all);
+    }
+
     int end(int n) {
         if (n < 0 || n > text.length) {
             throw new IllegalArgumentException();

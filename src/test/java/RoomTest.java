@@ -64,6 +64,7 @@ public final class RoomTest {
         rows();
         handMade();
         byChance(400);
+        oneBehindAnother();
         System.out.println(wrong == 0 ? "there's room for all" : wrong + " wrong");
         if (wrong != 0) {
             System.exit(1);
@@ -187,6 +188,18 @@ public final class RoomTest {
         fits(two + "var x:8;x=a;" + "while1(x)x=x-b;".repeat(46));
         fits(two + "var x:8;var y:8;x=a^b;y=b+a;x=" + "x+y+".repeat(89) + "a;");
         fits("input a:8;input b:4;" + "var x:8;" + "x=a;" + ("x=x+b;assert x;").repeat(57));
+    }
+
+    /** One object, PROGRAMS of most gates: what one takes is free again for the next. */
+    private static void oneBehindAnother() {
+        ProofHall hall = new ProofHall();
+        for (int n = 0; n < 40; n++) {
+            Hall.feed(hall, "input a:8;input b:4;var x:8;var y:8;x=a+" + n + ";y=b;x=" + "x/y%".repeat(11) + "x;");
+            must(Hall.outcome(hall::build) == 0, "build " + n);
+            must(Hall.outcome(() -> hall.can(0, 77)) >= 0, "can " + n);
+            must(Hall.outcome(() -> hall.differ(0, 1)) == 1, "differ " + n);
+            must(hall.count(9) == 0, "count(9) is " + hall.count(9) + " behind build " + n);
+        }
     }
 
     private static void byChance(int many) throws ReflectiveOperationException {

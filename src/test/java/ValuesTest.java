@@ -335,7 +335,10 @@ public final class ValuesTest {
         Hall.sentence("assume of 0: it's OUT", ValuesTest::isOut);
         Hall.sentence("while n: as long as EXPR isn't 0, but at most n times; isn't it then: OUT", ValuesTest::atMost);
         Hall.sentence("while: EXPR once more; for n 0 once", ValuesTest::onceMore);
+        Hall.sentence("while: for n 0 once, one behind another, in branches and behind them", ValuesTest::manyZeros);
         Hall.sentence("while in while: each n anew", ValuesTest::loopsInLoops);
+        Hall.sentence("while in while: as deep as can be", ValuesTest::deepLoops);
+        Hall.sentence("if: one STATEMENT or the other, and what it sets, where it FAILS or is OUT", ValuesTest::oneOrTheOther);
         Hall.sentence("Else it ENDS", ValuesTest::itEnds);
     }
 
@@ -472,6 +475,122 @@ public final class ValuesTest {
         due("its a", () -> hall.witness(0), 3);
         due("its b", () -> hall.witness(1), 2);
         due("so many end", hall::ends, 8 + 9);
+    }
+
+    private static int ends(String text) {
+        ProofHall hall = Hall.with(text);
+        int ended = 0;
+        for (int n = 0; n < 16; n++) {
+            hall.set(0, n >> 2);
+            hall.set(1, n & 3);
+            ended += hall.run() == 0 ? 1 : 0;
+        }
+        int want = ended;
+        due("RUNS that END of " + text, hall::ends, want);
+        return ended;
+    }
+
+    private static void manyZeros() {
+        String start = "input a:2;input b:2;var x:2;";
+        due("a", () -> ends(start + "while0(a){}"), 4);
+        due("a and b", () -> ends(start + "while0(a){}while0(b){}"), 1);
+        due("a and a", () -> ends(start + "while0(a){}while0(a){}"), 4);
+        due("a, b and a", () -> ends(start + "while0(a){}while0(b){}while0(a){}"), 1);
+        due("in a branch", () -> ends(start + "if(b)while0(a){}"), 4 + 3);
+        due("in a branch and behind it", () -> ends(start + "if(b)while0(a){}while0(a){}"), 4);
+        due("before a branch and in it", () -> ends(start + "while0(a>1){}if(b)while0(a){}"), 2 + 3);
+        due("in both", () -> ends(start + "if(b)while0(a){}else while0(a){}"), 4);
+        due("in the other", () -> ends(start + "if(b){}else while0(a){}"), 12 + 1);
+        due("in both, of others", () -> ends(start + "if(b)while0(a){}else while0(a>2){}"), 3 + 3);
+        due("of one that is set between", () -> ends(start + "x=a;while0(x){}x=b;while0(x){}"), 1);
+        due("of one that is set to the same", () -> ends(start + "x=a;while0(x){}x=a;while0(x){}"), 4);
+        due("in a loop", () -> ends(start + "while3(x<a){x=x+1;while0(b){}}"), 4 + 3);
+        due("in a loop and behind it", () -> ends(start + "while3(x<a){x=x+1;while0(b){}}while0(b){}"), 4);
+        StringBuilder many = new StringBuilder(start);
+        for (int n = 0; n < 40; n++) {
+            many.append("while0(a==").append(n % 3 + 1).append("){}while0(b==").append(n % 7 + 3).append("){}");
+        }
+        due("many", () -> ends(many.toString()), 3);
+    }
+
+    private static void deepLoops() {
+        String loops = "while1(a)".repeat(29);
+        ProofHall fails = Hall.with("input a:1;" + loops + "while1(a)assert 0;");
+        due("of 0", fails::run, 0);
+        due("fails", fails::fails, 1);
+        due("of 1", () -> fails.witness(0), 1);
+        fails.set(0, 1);
+        due("of 1", fails::run, 1);
+        ProofHall out = Hall.with("input a:1;" + loops + "while1(a){}");
+        out.set(0, 1);
+        due("OUT", out::run, 2);
+        due("one ends", out::ends, 1);
+        ProofHall ifs = Hall.with("input a:1;" + "if(a)".repeat(29) + "if(a)assert 0;");
+        due("ifs", ifs::fails, 1);
+        due("ifs of 1", () -> ifs.witness(0), 1);
+        ProofHall set = Hall.with("input a:1;var x:8;" + "if(a){}else ".repeat(29) + "x=7;");
+        due("elses", () -> set.greatest(0), 7);
+        due("elses of 0", () -> set.witness(0), 0);
+        due("elses", () -> set.least(0), 0);
+        due("elses of 1", () -> set.witness(0), 1);
+    }
+
+    /** What RUNS leave, against what questions say of them: x and y, for a of 2 bits. */
+    private static void bothWays(String statements, int[] outcome, int[] x, int[] y) {
+        ProofHall hall = Hall.with("input a:2;var x:4;var y:4;" + statements);
+        for (int a = 0; a < 4; a++) {
+            hall.set(0, a);
+            due("run of " + a + ": " + statements, hall::run, outcome[a]);
+            int wantX = x[a];
+            int wantY = y[a];
+            due("x of " + a + ": " + statements, () -> hall.value(0), wantX);
+            due("y of " + a + ": " + statements, () -> hall.value(1), wantY);
+        }
+        for (int n = 0; n < 16; n++) {
+            int byX = -1;
+            int byY = -1;
+            for (int a = 3; a >= 0; a--) {
+                byX = outcome[a] == 0 && x[a] == n ? a : byX;
+                byY = outcome[a] == 0 && y[a] == n ? a : byY;
+            }
+            int wantX = byX;
+            int wantY = byY;
+            int asked = n;
+            due("x can be " + n + ": " + statements, () -> hall.can(0, asked), wantX < 0 ? 0 : 1);
+            due("for: " + statements, () -> hall.witness(0), wantX < 0 ? Hall.MISSING : wantX);
+            due("y can be " + n + ": " + statements, () -> hall.can(1, asked), wantY < 0 ? 0 : 1);
+            due("for: " + statements, () -> hall.witness(0), wantY < 0 ? Hall.MISSING : wantY);
+        }
+        int ended = 0;
+        int failing = -1;
+        for (int a = 3; a >= 0; a--) {
+            ended += outcome[a] == 0 ? 1 : 0;
+            failing = outcome[a] == 1 ? a : failing;
+        }
+        int wantEnded = ended;
+        int wantFailing = failing;
+        due("ends: " + statements, hall::ends, wantEnded);
+        due("fails: " + statements, hall::fails, wantFailing < 0 ? 0 : 1);
+        due("for: " + statements, () -> hall.witness(0), wantFailing < 0 ? Hall.MISSING : wantFailing);
+    }
+
+    private static void oneOrTheOther() {
+        int[] all = {0, 0, 0, 0};
+        bothWays("if(a)x=5;", all, new int[] {0, 5, 5, 5}, all);
+        bothWays("if(a)x=5;else x=6;", all, new int[] {6, 5, 5, 5}, all);
+        bothWays("if(a){x=5;}else{y=x+1;}", all, new int[] {0, 5, 5, 5}, new int[] {1, 0, 0, 0});
+        bothWays("x=9;if(a==2){x=5;y=x;}else{y=x+1;}", all, new int[] {9, 9, 5, 9}, new int[] {10, 10, 5, 10});
+        bothWays("if(a==1)assume 0;else x=3;", new int[] {0, 2, 0, 0}, new int[] {3, 0, 3, 3}, all);
+        bothWays("if(a==1)x=3;else assume a;", new int[] {2, 0, 0, 0}, new int[] {0, 3, 0, 0}, all);
+        bothWays("if(a==1){}else assume a;", new int[] {2, 0, 0, 0}, all, all);
+        bothWays("if(a==1)assume 0;else{}", new int[] {0, 2, 0, 0}, all, all);
+        bothWays("if(a==1)assume 0;else assume a!=3;", new int[] {0, 2, 0, 2}, all, all);
+        bothWays("if(a==1)assert 0;else x=3;", new int[] {0, 1, 0, 0}, new int[] {3, 0, 3, 3}, all);
+        bothWays("if(a==1)x=3;else assert a;y=1;", new int[] {1, 0, 0, 0}, new int[] {0, 3, 0, 0}, new int[] {0, 1, 1, 1});
+        bothWays("if(a>1)if(a>2)x=3;else x=2;else x=1;", all, new int[] {1, 1, 2, 3}, all);
+        bothWays("if(a>1){if(a>2)assume 0;}else if(a)assert 0;x=1;", new int[] {0, 1, 0, 2}, new int[] {1, 0, 1, 0}, all);
+        bothWays("while3(x<a){if(x==1)y=y+5;else y=y+1;x=x+1;}", all, new int[] {0, 1, 2, 3}, new int[] {0, 1, 6, 7});
+        bothWays("while2(x<a){x=x+1;assert x!=2||a==3;}", new int[] {0, 0, 1, 2}, new int[] {0, 1, 2, 2}, all);
     }
 
     private static void itEnds() {
