@@ -18,7 +18,10 @@ public final class ProofHall {
     /** In each of 31 depths at most ten signs wait, one of each strength, and what opened it. */
     private static final int STACK = 400;
 
-    /** Far above the steps of any RUN: WORK lets loops have 187 rounds, of at most 2048 steps. */
+    /**
+     * Far above the steps of any RUN: WORK lets loops have 187 rounds, of at most 2048 steps. Without
+     * VARIABLES they have no WORK, but then one that has begun is OUT behind its rounds, 8 at most.
+     */
     private static final int MANY_STEPS = 1_000_000;
 
     private static final int FAULT_SYNTAX = 1;
