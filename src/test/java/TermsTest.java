@@ -6,7 +6,8 @@ import java.util.function.IntSupplier;
  * before the TOKEN at which the fault is.
  */
 public final class TermsTest {
-    private static final String BLOCK = "{";
+    private static final String[][] LOOSEST_FIRST = {{"||"}, {"&&"}, {"|"}, {"^"}, {"&"}, {"==", "!="},
+        {"<", "<=", ">", ">="}, {"<<", ">>"}, {"+", "-"}, {"*", "/", "%"}};
 
     private static void due(String what, IntSupplier call, long want) {
         Hall.due(what, call, want);
@@ -400,9 +401,6 @@ public final class TermsTest {
         due("3^3|4", () -> worth("3^3|4"), 4);
     }
 
-    private static final String[][] LOOSEST_FIRST = {{"||"}, {"&&"}, {"|"}, {"^"}, {"&"}, {"==", "!="},
-        {"<", "<=", ">", ">="}, {"<<", ">>"}, {"+", "-"}, {"*", "/", "%"}};
-
     /** Any two signs behind one another: for no INPUTS anything else than with the ( ) that are due. */
     private static void allPairs() {
         int[] apart = {0};
@@ -513,7 +511,7 @@ public final class TermsTest {
             }
         }
         for (int n = 28; n <= 30; n++) {
-            String before = times(BLOCK, n) + "assert ";
+            String before = times("{", n) + "assert ";
             String text = before + times(open, 2) + "1" + times(close, 2) + ";" + times("}", n);
             if (n + 2 <= 30) {
                 good(text);
