@@ -2087,7 +2087,8 @@ public final class ProofHall {
                 supposed[literals[i] ^ 1] = step;
             }
             for (int i = hintCount - 1; i >= 0; i--) {
-                int left = remainder(memory, hints[i]);
+                // A hint that is no clause would clash with anything.
+                int left = hints[i] == Clauses.NONE ? SEVERAL : remainder(memory, hints[i]);
                 if (left == NOTHING) {
                     return true;
                 }

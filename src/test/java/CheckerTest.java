@@ -77,6 +77,7 @@ public final class CheckerTest {
         refuses("a hint that tells nothing", 1, new int[][] {{A, B, C}}, new int[] {A}, new int[] {0});
         models();
         forgets();
+        noClause();
         questions();
         System.out.println(wrong == 0 ? "the checker refuses what it must" : wrong + " wrong");
         if (wrong != 0) {
@@ -93,6 +94,18 @@ public final class CheckerTest {
             wrong++;
             System.out.println(what);
         }
+    }
+
+    /** The hint of what has no reason is none. */
+    private static void noClause() throws ReflectiveOperationException {
+        Object checker = made("Checker");
+        Object store = made("Clauses");
+        call(store, "clear", 100);
+        call(checker, "clear", 100);
+        call(store, "add", new int[] {A, B}, 2);
+        call(checker, "check", part(store, "memory"), new int[] {}, 0, new int[] {0}, 1);
+        call(checker, "check", part(store, "memory"), new int[] {C}, 1, new int[] {0}, 1);
+        must((Integer) part(checker, "wrong") == 2, "a hint that is no clause is taken for one");
     }
 
     /** Questions have their steps checked, those to a "no" and those to the least INPUTS, each by itself. */

@@ -1,5 +1,16 @@
 /** Programs at the limits of what can be built: the most gates, rounds, clashes and text. */
 public final class LimitTest {
+    /** Found by trial: least and greatest of x learn so much that the room for near cuts is full. */
+    static final String[] FAR = {
+        "input a:8;input b:4;var x:8;var y:8;x=a*37+b*91+1;y=(a^b*17)+1;x=x*(a+210)-y;x=x+(x-252)-x;y=x/(x^65)+y;y=x+(b|68)^b;"
+            + "x=y*(a-165)+y;x=x*(a-139)-x;y=y/(a^194)-x;x=y-(x^143)^y;y=y^(b^133)^x;x=y+(b-52)+a;x=x%(x|157)-y;y=y^(x|75)+a;"
+            + "x=y*(y+207)+y;x=x+(x^222)^x;x=x/(b-151)+y;y=y^(a|48)-b;y=x*(x+52)-a;x=y/(y+125)^a;y=x^(x|103)+x;x=x+(b^32)-x;"
+            + "y=x*(a|215)+b;assert x!=17||y!=18;",
+        "input a:8;input b:4;var x:8;var y:8;x=a*37+b*91+1;y=(a^b*17)+1;y=x/(b-241)^y;x=x+(a^38)^b;y=y^(b|7)+x;y=y+(y+55)+x;"
+            + "y=y*(b|148)^b;y=y/(a+35)+b;x=x+(x|94)-y;x=y-(b+210)-b;x=y*(a-11)-x;x=y%(b^47)-x;x=x*(y^253)+a;y=y/(a+14)^x;"
+            + "x=x/(y^50)^b;x=y^(x-8)-a;y=y%(x-96)-x;x=x%(x|156)-x;y=x+(b+152)-b;y=y+(a+98)^b;y=y-(y-103)^a;y=x-(x|225)+x;"
+            + "y=y+(y-226)-a;y=x-(y^2)+a;assert x!=17||y!=18;"};
+
     private static String times(String s, int n) {
         return s.repeat(n);
     }
@@ -23,6 +34,10 @@ public final class LimitTest {
             + "y=251/(x+1)+y*3;x=250%(y+1)+b*x;y=x%(a+1)+y*x;x=x*y+7;y=249%(x+1)+y;x=x%(y|1)+a*y;y=y*x+x;x=x*3%(y+1);"
             + "assert x!=17||y!=18;");
         compare("input a:4;input b:4;input c:4;var x:8;x=(a|128)*((b|128)+(c|128));assert x==(a|128)*(b|128)+(a|128)*(c|128);");
+        // So many that near cuts have no more room, and far ones take over.
+        for (String text : FAR) {
+            compare(text);
+        }
         // Most rounds, and what in them costs no WORK.
         compare("input a:8;input b:4;var x:8;while 5(x<a)while 8(x<b)x=x+1;");
         compare(bits + "var x:8;x=a*3+b*9+c*21+d*77;while 8(x<200){while 2(x>3){"

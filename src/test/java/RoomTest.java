@@ -65,6 +65,7 @@ public final class RoomTest {
         handMade();
         byChance(400);
         oneBehindAnother();
+        farCuts();
         System.out.println(wrong == 0 ? "there's room for all" : wrong + " wrong");
         if (wrong != 0) {
             System.exit(1);
@@ -199,6 +200,19 @@ public final class RoomTest {
             must(Hall.outcome(() -> hall.can(0, 77)) >= 0, "can " + n);
             must(Hall.outcome(() -> hall.differ(0, 1)) == 1, "differ " + n);
             must(hall.count(9) == 0, "count(9) is " + hall.count(9) + " behind build " + n);
+        }
+    }
+
+    /** The room for near cuts gets full, that for far ones doesn't. */
+    private static void farCuts() throws ReflectiveOperationException {
+        int memory = constant("Clauses", "MEMORY");
+        int near = memory - constant("Clauses", "FAR_ROOM") - constant("Circuit", "GATES");
+        for (String text : LimitTest.FAR) {
+            ProofHall hall = Hall.with(text);
+            hall.greatest(0);
+            int top = (Integer) part(hall, "inquiry", "solver", "clauses", "top");
+            must(top > near && top < memory, top + " places in use of " + near + " and " + memory);
+            must(hall.count(9) == 0, "count(9) is " + hall.count(9) + " behind far cuts");
         }
     }
 

@@ -834,6 +834,19 @@ public final class TermsTest {
             due("where of WORK " + (1496 + more), () -> hall.count(2), more == 5 ? text.length() : -1);
             due("WORK told", () -> hall.count(6), more == 5 ? 0 : 1496 + more);
         }
+        // All of it in one EXPR, which is no Setting, assert or assume.
+        String[] forms = {"if(1", "while0(1", "while1(0){}if(1"};
+        for (String form : forms) {
+            int[] much = {1498, 1499, 1500, 1501, 1502, 1508, 1600, 1800};
+            for (int n : much) {
+                String text = form + times("+1", n) + "){}";
+                if (n <= 1500) {
+                    workIs(text, n);
+                } else {
+                    Hall.fault(text, 7, text.length());
+                }
+            }
+        }
         Hall.fault(worth(187, 5) + "  \n", 7, worth(187, 5).length() + 3);
         Hall.fault(filled(worth(187, 5), "", 4096), 7, 4096);
         // In loops, in ifs, and so much that it would wrap around.

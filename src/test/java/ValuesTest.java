@@ -511,6 +511,24 @@ public final class ValuesTest {
             many.append("while0(a==").append(n % 3 + 1).append("){}while0(b==").append(n % 7 + 3).append("){}");
         }
         due("many", () -> ends(many.toString()), 3);
+        due("of what is never 0, behind others", () -> ends(start + "while0(a){}while0(1){}"), 0);
+        due("of what is always 0, behind others", () -> ends(start + "while0(a){}while0(0){}"), 4);
+        StringBuilder each = new StringBuilder("input a:6;");
+        for (int n = 0; n < 50; n++) {
+            each.append("while0(a==").append(n).append("){}");
+        }
+        due("fifty others", () -> Hall.with(each.toString()).ends(), 14);
+        due("and again", () -> Hall.with(each + "while0(a==7){}while0(a==55){}while0(a==49){}").ends(), 13);
+        // The same one built again, and another: nothing of what was denied before counts.
+        ProofHall again = new ProofHall();
+        String[] texts = {"input a:2;while0(a){}", "input a:2;while0(a){}", "input b:2;", "input b:2;while0(b>1){}",
+            "input a:1;input b:1;while0(a){}", "input a:1;input b:1;while0(b){}", "input a:1;input b:1;while0(a){}while0(b){}"};
+        int[] want = {1, 1, 4, 2, 2, 2, 1};
+        for (int i = 0; i < texts.length; i++) {
+            Hall.feed(again, texts[i]);
+            due("build of " + texts[i], again::build, 0);
+            due("ends of " + texts[i], again::ends, want[i]);
+        }
     }
 
     private static void deepLoops() {
