@@ -28,12 +28,6 @@ public final class CheckerTest {
         throw new NoSuchMethodException(name);
     }
 
-    private static Object part(Object who, String name) throws ReflectiveOperationException {
-        Field f = who.getClass().getDeclaredField(name);
-        f.setAccessible(true);
-        return f.get(who);
-    }
-
     /** The steps told, one behind the other, and how many of them must be refused. */
     private static void refuses(String what, int want, int[][] clauses, int[]... steps) throws ReflectiveOperationException {
         Object checker = made("Checker");
@@ -49,9 +43,9 @@ public final class CheckerTest {
             for (int j = 0; j < hints.length; j++) {
                 hints[j] = refs[hints[j]];
             }
-            call(checker, "check", part(store, "memory"), steps[i], steps[i].length, hints, hints.length);
+            call(checker, "check", Inside.part(store, "memory"), steps[i], steps[i].length, hints, hints.length);
         }
-        int got = (Integer) part(checker, "wrong");
+        int got = (Integer) Inside.part(checker, "wrong");
         if (got != want) {
             wrong++;
             System.out.println(what + ": " + got + " refused, due are " + want);
@@ -86,8 +80,8 @@ public final class CheckerTest {
         }
     }
 
-    private static Object checkerOf(ProofHall hall) throws ReflectiveOperationException {
-        return part(part(part(hall, "inquiry"), "solver"), "checker");
+    private static Object checkerOf(ProofHall hall) {
+        return Inside.part(hall, "inquiry", "solver", "checker");
     }
 
     private static void must(boolean so, String what) {
@@ -106,14 +100,14 @@ public final class CheckerTest {
     /** What must never be is put in by force: count(9) counts all of it. */
     private static void counted() throws ReflectiveOperationException {
         ProofHall hall = Hall.with("input a:4;var x:4;x=a+1;assert a!=9;");
-        Object inquiry = part(hall, "inquiry");
+        Object inquiry = Inside.part(hall, "inquiry");
         put(checkerOf(hall), "wrong", 1);
         must(hall.count(9) == 1, "steps that didn't check: " + hall.count(9));
-        put(part(part(inquiry, "solver"), "clauses"), "lost", 2);
+        put(Inside.part(inquiry, "solver", "clauses"), "lost", 2);
         must(hall.count(9) == 3, "clauses that were lost: " + hall.count(9));
         put(inquiry, "wrong", 4);
         must(hall.count(9) == 7, "answers that weren't models: " + hall.count(9));
-        put(part(part(part(inquiry, "encoder"), "words"), "circuit"), "lost", 8);
+        put(Inside.part(inquiry, "encoder", "words", "circuit"), "lost", 8);
         must(hall.count(9) == 15, "gates that were lost: " + hall.count(9));
         put(inquiry, "found", true);
         call(inquiry, "verdict", true);
@@ -132,31 +126,31 @@ public final class CheckerTest {
         call(store, "clear", 100);
         call(checker, "clear", 100);
         call(store, "add", new int[] {A, B}, 2);
-        call(checker, "check", part(store, "memory"), new int[] {}, 0, new int[] {0}, 1);
-        call(checker, "check", part(store, "memory"), new int[] {C}, 1, new int[] {0}, 1);
-        must((Integer) part(checker, "wrong") == 2, "a hint that is no clause is taken for one");
+        call(checker, "check", Inside.part(store, "memory"), new int[] {}, 0, new int[] {0}, 1);
+        call(checker, "check", Inside.part(store, "memory"), new int[] {C}, 1, new int[] {0}, 1);
+        must((Integer) Inside.part(checker, "wrong") == 2, "a hint that is no clause is taken for one");
     }
 
     /** Questions have their steps checked, those to a "no" and those to the least INPUTS, each by itself. */
     private static void questions() throws ReflectiveOperationException {
         ProofHall never = Hall.with("input a:6;input b:6;assert a*b==b*a;assert (a+b)*(a+b)==a*a+b*b+(a*b<<1);");
         never.fails();
-        int steps = (Integer) part(checkerOf(never), "step");
+        int steps = Inside.steps(never);
         must(steps >= 1000, "a no of " + steps + " steps");
         ProofHall some = Hall.with("input a:6;input b:6;var x:6;x=a|b;");
         some.can(0, 63);
         // Six bits that must be 1, and six bits of INPUTS that have to be, as those before them are 0.
-        int least = (Integer) part(checkerOf(some), "step");
+        int least = Inside.steps(some);
         must(least >= 12, "least INPUTS of " + least + " steps");
         ProofHall free = Hall.with("input a:4;input b:4;assert a+b!=9;");
         free.fails();
-        int before = (Integer) part(checkerOf(free), "step");
+        int before = Inside.steps(free);
         free.fails();
-        must((Integer) part(checkerOf(free), "step") == 2 * before && before > 0, "each question has its own steps");
+        must(Inside.steps(free) == 2 * before && before > 0, "each question has its own steps");
         ProofHall other = Hall.with("input a:4;var x:4;x=a;");
         for (int x = 0; x < 16; x++) {
             other.can(0, x);
-            int[] proved = (int[]) part(checkerOf(other), "proved");
+            int[] proved = (int[]) Inside.part(checkerOf(other), "proved");
             for (int literal = 0; literal < 200; literal += 2) {
                 must(proved[literal] + proved[literal + 1] <= 1, "what was proved of another question is left: " + literal);
             }
@@ -172,12 +166,12 @@ public final class CheckerTest {
             call(checker, "clear", 100);
             int fact = (Integer) call(store, "add", new int[] {A}, 1);
             int implies = (Integer) call(store, "add", new int[] {A ^ 1, B}, 2);
-            Object memory = part(store, "memory");
+            Object memory = Inside.part(store, "memory");
             if (round == 0) {
                 call(checker, "check", memory, new int[] {A}, 1, new int[] {fact}, 1);
             }
             call(checker, "check", memory, new int[] {B}, 1, new int[] {implies}, 1);
-            int got = (Integer) part(checker, "wrong");
+            int got = (Integer) Inside.part(checker, "wrong");
             if (got != round) {
                 wrong++;
                 System.out.println("a fact of another question: " + got + " refused, due are " + round);

@@ -1,18 +1,22 @@
 import java.nio.charset.StandardCharsets;
+import java.util.ArrayList;
+import java.util.List;
 import java.util.NoSuchElementException;
 import java.util.function.IntSupplier;
 
 /** What the tests share: feeding a text, and comparing what a call does with what is due. */
 final class Hall {
-    /** Stands for an exception among the answers; all four are below any answer. */
+    /** Stands for an exception among the answers; all of them are below any answer. */
     static final long REFUSED = Long.MIN_VALUE;
     static final long MISSING = Long.MIN_VALUE + 1;
     static final long BEYOND = Long.MIN_VALUE + 2;
     static final long BAD = Long.MIN_VALUE + 3;
+    static final long FOREIGN = Long.MIN_VALUE + 4;
 
     private static int wrong = 0;
     private static long checked = 0;
-    private static int sentences = 0;
+    private static final List<String> WORDS = new ArrayList<>();
+    private static String heading = "";
     private static String sentence = "";
 
     private Hall() {
@@ -56,17 +60,14 @@ final class Hall {
         return hall;
     }
 
+    /** What a call answers, or which of the four exceptions it throws; no other will do, nor one that goes for it. */
     static long outcome(IntSupplier call) {
         try {
             return call.getAsInt();
-        } catch (IllegalStateException e) {
-            return REFUSED;
-        } catch (NoSuchElementException e) {
-            return MISSING;
-        } catch (IndexOutOfBoundsException e) {
-            return e.getClass() == IndexOutOfBoundsException.class ? BEYOND : Long.MAX_VALUE;
-        } catch (IllegalArgumentException e) {
-            return BAD;
+        } catch (RuntimeException e) {
+            Class<?> kind = e.getClass();
+            return kind == IllegalStateException.class ? REFUSED : kind == NoSuchElementException.class ? MISSING
+                : kind == IndexOutOfBoundsException.class ? BEYOND : kind == IllegalArgumentException.class ? BAD : FOREIGN;
         }
     }
 
@@ -78,6 +79,7 @@ final class Hall {
     private static String told(long answer) {
         return answer == REFUSED ? "IllegalStateException" : answer == MISSING ? "NoSuchElementException"
             : answer == BEYOND ? "IndexOutOfBoundsException" : answer == BAD ? "IllegalArgumentException"
+            : answer == FOREIGN ? "an exception of no such kind"
             : Long.toString(answer);
     }
 
@@ -90,12 +92,30 @@ final class Hall {
         }
     }
 
-    /** The test of one sentence of the document. */
-    static void sentence(String words, Runnable test) {
-        sentence = "\"" + words + "\": ";
-        sentences++;
-        test.run();
+    /** The document's headings, under which its sentences are told. */
+    static void heading(String words) {
+        heading = words.replace("#", "").strip() + ": ";
+        WORDS.add(words);
+    }
+
+    /** The tests of one sentence of the document, or of a part of it. */
+    static void sentence(String words, Runnable... tests) {
+        sentence = heading + "\"" + words + "\": ";
+        WORDS.add(words);
+        for (Runnable test : tests) {
+            test.run();
+        }
         sentence = "";
+    }
+
+    /** All headings and sentences so far, in their order. */
+    static List<String> words() {
+        return WORDS;
+    }
+
+    /** What isn't a call's answer. */
+    static void must(String what, boolean so) {
+        due(what, () -> so ? 1 : 0, 1);
     }
 
     private static String shown(String text) {
@@ -130,7 +150,8 @@ final class Hall {
     }
 
     static void finish() {
-        System.out.println((sentences > 0 ? sentences + " sentences, " : "") + checked + " answers looked at, " + wrong + " wrong");
+        System.out.println((WORDS.isEmpty() ? "" : WORDS.size() + " headings and sentences, ") + checked + " answers looked at, "
+            + wrong + " wrong");
         if (wrong != 0 || checked == 0) {
             System.exit(1);
         }

@@ -2,7 +2,6 @@ import java.io.File;
 import java.io.IOException;
 import java.io.PrintWriter;
 import java.io.StringWriter;
-import java.lang.reflect.Array;
 import java.lang.reflect.Constructor;
 import java.lang.reflect.Field;
 import java.lang.reflect.Member;
@@ -11,9 +10,7 @@ import java.lang.reflect.Modifier;
 import java.nio.file.Files;
 import java.nio.file.Path;
 import java.util.Arrays;
-import java.util.Collections;
 import java.util.HashMap;
-import java.util.IdentityHashMap;
 import java.util.Map;
 import java.util.Set;
 import java.util.TreeSet;
@@ -50,7 +47,7 @@ public final class LanguageTest {
         }
     }
 
-    public static void main(String[] args) throws IOException, IllegalAccessException {
+    public static void main(String[] args) throws IOException {
         face();
         classes();
         room();
@@ -130,9 +127,9 @@ public final class LanguageTest {
     }
 
     /** All that an object holds, against what a run may have; no call makes more. */
-    private static void room() throws IllegalAccessException {
+    private static void room() {
         ProofHall hall = Hall.with("input a:8; var x:8; x = a * a; assert x != 77;");
-        long before = elements(hall, Collections.newSetFromMap(new IdentityHashMap<>()));
+        long before = Inside.elements(hall);
         must(before < 700_000, "the room: " + before + " elements");
         hall.fails();
         hall.greatest(0);
@@ -140,25 +137,8 @@ public final class LanguageTest {
         Hall.feed(hall, "input a:8; var x:8; x = a / a;");
         hall.build();
         hall.run();
-        long after = elements(hall, Collections.newSetFromMap(new IdentityHashMap<>()));
+        long after = Inside.elements(hall);
         must(after == before, "the room grows from " + before + " to " + after);
-    }
-
-    private static long elements(Object o, Set<Object> seen) throws IllegalAccessException {
-        if (o == null || !seen.add(o)) {
-            return 0;
-        }
-        if (o.getClass().isArray()) {
-            return Array.getLength(o);
-        }
-        long n = 0;
-        for (Field f : o.getClass().getDeclaredFields()) {
-            if (!Modifier.isStatic(f.getModifiers())) {
-                f.setAccessible(true);
-                n += 1 + (f.getType().isPrimitive() ? 0 : elements(f.get(o), seen));
-            }
-        }
-        return n;
     }
 
     /** Who calls whom, as javap tells it; none calls itself, and no chain is longer than eight. */

@@ -25,16 +25,6 @@ public final class RoomTest {
         }
     }
 
-    static Object part(Object who, String... names) throws ReflectiveOperationException {
-        Object at = who;
-        for (String name : names) {
-            Field f = at.getClass().getDeclaredField(name);
-            f.setAccessible(true);
-            at = f.get(at);
-        }
-        return at;
-    }
-
     private static Object call(Object who, String name, int... args) throws ReflectiveOperationException {
         for (Method m : who.getClass().getDeclaredMethods()) {
             if (m.getName().equals(name) && m.getParameterCount() == args.length) {
@@ -74,24 +64,24 @@ public final class RoomTest {
 
     /** A row of literals none of which any gate knows yet. */
     private static void fresh(Object words, int at, int width) throws ReflectiveOperationException {
-        int[] bits = (int[]) part(words, "bits");
-        Object circuit = part(words, "circuit");
+        int[] bits = (int[]) Inside.part(words, "bits");
+        Object circuit = Inside.part(words, "circuit");
         for (int i = 0; i < 8; i++) {
             bits[at + i] = i < width ? (Integer) call(circuit, "leaf") : 1;
         }
     }
 
     private static int gates(Object words) throws ReflectiveOperationException {
-        return (Integer) part(words, "circuit", "size");
+        return (Integer) Inside.part(words, "circuit", "size");
     }
 
     /** Each operation makes at most three gates for a unit of WORK, and its truth one more. */
     private static void operations() throws ReflectiveOperationException {
-        Object words = part(new ProofHall(), "inquiry", "encoder", "words");
+        Object words = Inside.part(new ProofHall(), "inquiry", "encoder", "words");
         for (int what = FIRST_BINARY; what <= LAST_UNARY + 1; what++) {
             for (int first = 1; first <= 8; first++) {
                 for (int second = 1; second <= 8; second++) {
-                    call(part(words, "circuit"), "clear");
+                    call(Inside.part(words, "circuit"), "clear");
                     fresh(words, 0, first);
                     fresh(words, 8, second);
                     fresh(words, 16, second);
@@ -135,7 +125,7 @@ public final class RoomTest {
         ProofHall hall = new ProofHall();
         Hall.feed(hall, text);
         must(Hall.outcome(hall::build) >= 0, "no PROGRAM: " + shown + " fault " + hall.count(1) + " at " + hall.count(2));
-        int gates = (Integer) part(hall, "inquiry", "encoder", "words", "circuit", "size");
+        int gates = (Integer) Inside.part(hall, "inquiry", "encoder", "words", "circuit", "size");
         must(gates <= MOST_GATES, gates + " gates: " + shown);
         hall.fails();
         hall.ends();
@@ -210,7 +200,7 @@ public final class RoomTest {
         for (String text : LimitTest.FAR) {
             ProofHall hall = Hall.with(text);
             hall.greatest(0);
-            int top = (Integer) part(hall, "inquiry", "solver", "clauses", "top");
+            int top = (Integer) Inside.part(hall, "inquiry", "solver", "clauses", "top");
             must(top > near && top < memory, top + " places in use of " + near + " and " + memory);
             must(hall.count(9) == 0, "count(9) is " + hall.count(9) + " behind far cuts");
         }
@@ -224,7 +214,7 @@ public final class RoomTest {
             if (text.length() <= 4080) {
                 Hall.feed(hall, text);
                 if (Hall.outcome(hall::build) >= 0) {
-                    int gates = (Integer) part(hall, "inquiry", "encoder", "words", "circuit", "size");
+                    int gates = (Integer) Inside.part(hall, "inquiry", "encoder", "words", "circuit", "size");
                     must(gates <= 6 * hall.count(6) + 3 * (text.length() / 5) + 50, gates + " gates: " + text);
                 }
             }

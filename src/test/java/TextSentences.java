@@ -1,13 +1,13 @@
 import java.util.function.IntSupplier;
 
 /**
- * What the document's "Terms" say of TEXT, TOKENS, DEPTH, FAULTS and WORK: each sentence that names
- * a boundary has a test of its own, at the boundary and on both sides of it. A $ in a text stands
- * before the TOKEN at which the fault is.
+ * Tests of what the document's "Terms" say of TEXT, TOKENS, the grammar, DEPTH, FAULTS and WORK, at
+ * each boundary and on both sides of it. A $ in a text stands before the TOKEN at which the fault is.
  */
-public final class TermsTest {
+final class TextSentences {
     private static final String[][] LOOSEST_FIRST = {{"||"}, {"&&"}, {"|"}, {"^"}, {"&"}, {"==", "!="},
         {"<", "<=", ">", ">="}, {"<<", ">>"}, {"+", "-"}, {"*", "/", "%"}};
+    private static final String[] WORDS = {"input", "var", "if", "else", "while", "assert", "assume"};
 
     private static void due(String what, IntSupplier call, long want) {
         Hall.due(what, call, want);
@@ -29,27 +29,7 @@ public final class TermsTest {
         return start + times(" ", length - start.length() - end.length()) + end;
     }
 
-    public static void main(String[] args) {
-        tokens();
-        grammar();
-        depths();
-        faults();
-        work();
-        Hall.finish();
-    }
-
-    private static void tokens() {
-        Hall.sentence("TEXT: at most 4096 bytes", TermsTest::textLength);
-        Hall.sentence("blanks (32, 10) between them or none", TermsTest::blanks);
-        Hall.sentence("each as long as it goes", TermsTest::asLongAsItGoes);
-        Hall.sentence("WORDS input, var, if, else, while, assert, assume; NAMES: no WORD", TermsTest::words);
-        Hall.sentence("NAMES: a .. z", TermsTest::letters);
-        Hall.sentence("NAMES: 1 to 8", TermsTest::nameLength);
-        Hall.sentence("NUMBERS: digits, 0 .. 255", TermsTest::numbers);
-        Hall.sentence("signs", TermsTest::signs);
-    }
-
-    private static void textLength() {
+    static void textLength() {
         for (int length = 4095; length <= 4096; length++) {
             ProofHall hall = Hall.with(filled("var x:8;x=7;", "x=9;", length));
             due("run of " + length + " bytes", hall::run, 0);
@@ -71,7 +51,7 @@ public final class TermsTest {
         }
     }
 
-    private static void blanks() {
+    static void blanks() {
         good(" \n\n input\na\n:\n3\n;\n\nassert a+ \n 1 ; \n");
         good("input a:3;assert a+1;");
         good(" ");
@@ -89,7 +69,7 @@ public final class TermsTest {
         syntax("var x:1;x=1 $= = 1;");
     }
 
-    private static void asLongAsItGoes() {
+    static void asLongAsItGoes() {
         syntax("inputa$:1;");
         syntax("inputif$:1;");
         syntax("varx$:1;");
@@ -128,22 +108,40 @@ public final class TermsTest {
         due("12 is one NUMBER", () -> digits.value(0), 15);
     }
 
-    private static void words() {
-        String[] words = {"input", "var", "if", "else", "while", "assert", "assume"};
-        for (String word : words) {
-            syntax("var $" + word + ":1;");
-            syntax("input $" + word + ":1;");
-            syntax("assert $" + word + ";");
+    static void words() {
+        good("input a:1;");
+        good("var a:1;");
+        good("if(1){}");
+        good("if(1){}else{}");
+        good("while1(1){}");
+        good("assert 1;");
+        good("assume 1;");
+        for (String word : WORDS) {
             String longer = word + "s";
             String shorter = word.substring(0, word.length() - 1);
             good("var " + longer + ":1;" + longer + "=1;assert " + longer + ";");
             good("var " + shorter + ":1;" + shorter + "=1;assert " + shorter + ";");
+            syntax("$" + Character.toUpperCase(word.charAt(0)) + word.substring(1) + " a:1;");
         }
-        syntax("$Input a:1;");
-        syntax("$else{}");
+        good("var then:1;then=1;");
+        good("var for:1;for=1;");
     }
 
-    private static void letters() {
+    static void noWord() {
+        for (String word : WORDS) {
+            syntax("var $" + word + ":1;");
+            syntax("input $" + word + ":1;");
+            syntax("assert $" + word + ";");
+            syntax("assert 1+$" + word + ";");
+        }
+        syntax("$else{}");
+        syntax("$else=1;");
+        syntax("if$=1;");
+        syntax("{$var=1;}");
+        syntax("{$input=1;}");
+    }
+
+    static void letters() {
         for (char c = 'a'; c <= 'z'; c++) {
             good("var " + c + ":1;" + c + "=1;");
             good("var " + c + c + ":1;" + c + c + "=1;");
@@ -158,7 +156,7 @@ public final class TermsTest {
         good("var a:1;var az:1;var ba:1;var b:1;var zz:1;var z:1;var aa:1;var aaaaaaaa:1;var zzzzzzzz:1;");
     }
 
-    private static void nameLength() {
+    static void nameLength() {
         syntax("var $:1;");
         good("var a:1;a=1;");
         good("var abcdefg:1;abcdefg=1;");
@@ -177,7 +175,7 @@ public final class TermsTest {
         syntax("var a:1;$" + times("a", 300) + "=1;");
     }
 
-    private static void numbers() {
+    static void numbers() {
         int[] some = {0, 1, 9, 10, 99, 100, 199, 200, 249, 250, 254, 255};
         for (int n : some) {
             ProofHall hall = Hall.with("var x:8;x=" + n + ";");
@@ -200,7 +198,7 @@ public final class TermsTest {
     }
 
     /** What stands between two NUMBERS tells what each of all bytes is. */
-    private static void signs() {
+    static void signs() {
         for (int b = 0; b < 256; b++) {
             String text = "assert 1" + (char) b + "1;";
             boolean digit = b >= '0' && b <= '9';
@@ -225,21 +223,7 @@ public final class TermsTest {
         }
     }
 
-    private static void grammar() {
-        Hall.sentence("PROGRAM: DECL* STATEMENT*", TermsTest::declarationsFirst);
-        Hall.sentence("its WIDTH, 1 .. 8", TermsTest::widths);
-        Hall.sentence("INPUTS and VARIABLES, numbered each from 0", TermsTest::numberedApart);
-        Hall.sentence("else of the nearest if", TermsTest::nearestIf);
-        Hall.sentence("while NUMBER (0 .. 8)", TermsTest::loopNumbers);
-        Hall.sentence("assert: numbered from 0 as they stand", TermsTest::assertionNumbers);
-        Hall.sentence("'{' STATEMENT* '}'", TermsTest::blocks);
-        Hall.sentence("loosest first", TermsTest::strengths);
-        Hall.sentence("each from the left", TermsTest::fromTheLeft);
-        Hall.sentence("OR ('?' EXPR ':' EXPR)?", TermsTest::choices);
-        Hall.sentence("then ! ~ - before it", TermsTest::signsBefore);
-    }
-
-    private static void declarationsFirst() {
+    static void declarationsFirst() {
         good("");
         good("var x:1;");
         good("input x:1;");
@@ -250,15 +234,132 @@ public final class TermsTest {
         syntax("var x:1;x=1;$var y:1;");
         syntax("{$var x:1;}");
         syntax("if(1)$var x:1;");
-        String[] left = {"var", "var x", "var x:", "var x:1", "input", "input x", "input x:", "input x:1"};
-        for (String text : left) {
-            syntax(text + "$");
-            syntax(text + "  $");
-            syntax(text + "$}");
+    }
+
+    /** The TOKENS of a form, all of them due: it ends too early, or another stands in the place of each. */
+    private static void form(String before, String... tokens) {
+        String[] others = {")", ":", "=", "}", "*", "@"};
+        good(before + String.join(" ", tokens));
+        good(before + String.join("\n", tokens) + " ");
+        for (int i = 0; i < tokens.length; i++) {
+            StringBuilder start = new StringBuilder(before);
+            StringBuilder rest = new StringBuilder();
+            for (int j = 0; j < tokens.length; j++) {
+                (j < i ? start : rest).append(j == i ? "" : tokens[j]).append(j == i ? "" : " ");
+            }
+            String last = i == 0 ? "" : tokens[i - 1];
+            // Behind a } the STATEMENT is whole, and without any TOKEN it's a PROGRAM, too.
+            if (i > 0 && !last.equals("}")) {
+                syntax(start + "$");
+            }
+            for (String other : others) {
+                // A * goes on with an EXPR, and it's the next that can't.
+                boolean operator = other.equals("*") && (last.equals("0") || last.equals("1") || last.equals(")"));
+                if (!other.equals(tokens[i]) && !operator) {
+                    syntax(start + "$" + other + " " + rest);
+                }
+            }
         }
     }
 
-    private static void widths() {
+    static void declarationForm() {
+        form("", "var", "x", ":", "1", ";");
+        form("", "input", "x", ":", "1", ";");
+        form("var y:1;", "input", "x", ":", "1", ";");
+        syntax("var x:$x;");
+        syntax("var x:$(1);");
+        syntax("var x:1$+1;");
+        syntax("var $1:1;");
+        syntax("var x:1;x$:1;");
+        syntax("var x:1;$;");
+        syntax("var x:1$,y:1;");
+        syntax("var x $y:1;");
+    }
+
+    static void settingForm() {
+        form("var x:1;", "x", "=", "1", ";");
+        form("var x:1;", "x", "=", "(", "1", ")", ";");
+        syntax("var x:1;$(x)=1;");
+        syntax("var x:1;x=1$=1;");
+        syntax("var x:1;x$+=1;");
+        syntax("var x:1;$1=x;");
+        due("it's set", () -> left("input a:2;var x:2;x=a;", 3), 3);
+    }
+
+    static void ifForm() {
+        form("", "if", "(", "1", ")", "assert", "1", ";");
+        form("", "if", "(", "1", ")", "{", "}", "else", "{", "}", "assert", "1", ";");
+        syntax("if $1{}");
+        syntax("if($){}");
+        syntax("if(1)$");
+        syntax("if(1)$else{}");
+        syntax("if(1){}else$");
+        syntax("if(1){}$;else{}");
+        good("if(1)assert 1;else assert 1;");
+        good("if(1){assert 1;assert 1;}else{assert 1;assert 1;}");
+        syntax("if(1)assert 1;assert 1;$else assert 1;");
+        for (int i = 0; i < 4; i++) {
+            int a = i;
+            due("without else", () -> left("input a:2;var x:4;x=9;if(a)x=a;", a), a == 0 ? 9 : a);
+            due("with else", () -> left("input a:2;var x:4;if(a)x=a;else x=8;", a), a == 0 ? 8 : a);
+            due("one STATEMENT alone", () -> left("input a:2;var x:4;if(a==2)x=1;x=x+1;", a), a == 2 ? 2 : 1);
+            due("behind else one alone", () -> left("input a:2;var x:4;if(a==2)x=1;else x=2;x=x+1;", a), a == 2 ? 2 : 3);
+        }
+    }
+
+    static void whileForm() {
+        form("", "while", "1", "(", "0", ")", "assert", "1", ";");
+        form("", "while", "1", "(", "0", ")", "{", "}", "assert", "1", ";");
+        syntax("while$(1){}");
+        syntax("while $x(1){}");
+        syntax("while 1 $1(1){}");
+        syntax("while1($){}");
+        syntax("while1(1)$");
+        syntax("while1(1){}$else{}");
+        syntax("while1 ${}");
+        due("one STATEMENT alone", () -> left("input a:2;var x:4;while3(x<2)x=x+1;x=x+5;", 0), 7);
+        due("a block", () -> left("input a:2;var x:4;var y:4;while3(y<2){x=x+3;y=y+1;}", 0), 6);
+    }
+
+    static void assertForm() {
+        form("", "assert", "1", ";");
+        form("", "assert", "(", "1", ")", ";");
+        syntax("assert$;");
+        syntax("assert 1$,1;");
+        syntax("assert 1 $assert 1;");
+    }
+
+    static void assumeForm() {
+        form("", "assume", "1", ";");
+        form("", "assume", "(", "1", ")", ";");
+        syntax("assume$;");
+        syntax("assume 1 $assume 1;");
+        due("it has no number", () -> Hall.with("assume 1;assert 1;assume 1;").count(5), 1);
+    }
+
+    static void primary() {
+        String start = "input a:4;var x:8;x=";
+        due("a NAME", () -> left(start + "a;", 9), 9);
+        due("a NUMBER", () -> left(start + "77;", 9), 77);
+        due("( )", () -> left(start + "(a);", 9), 9);
+        due("(( ))", () -> left(start + "((a)+((1)));", 9), 10);
+        due("( ? : )", () -> left(start + "(a?3:4)*2;", 9), 6);
+        due("not without ( )", () -> left(start + "a?3:4*2;", 9), 3);
+        syntax(start + "($);");
+        syntax(start + "($;");
+        syntax(start + "(1$;");
+        syntax(start + "(1 $1);");
+        syntax(start + "(1$};");
+        syntax(start + "${1};");
+        syntax(start + "a$(1);");
+        syntax(start + "1$a;");
+        syntax(start + "a $a;");
+        syntax(start + "$if;");
+        syntax(start + "(a)$(a);");
+        syntax(start + "a$:1;");
+    }
+
+    static void widths() {
         String[] kinds = {"var", "input"};
         for (String kind : kinds) {
             for (int w = 1; w <= 8; w++) {
@@ -276,7 +377,7 @@ public final class TermsTest {
         }
     }
 
-    private static void numberedApart() {
+    static void numberedApart() {
         ProofHall hall = Hall.with("var x:8;input a:2;var y:8;input b:3;var z:8;input c:4;x=a;y=b;z=c;");
         hall.set(0, 1);
         hall.set(1, 2);
@@ -297,7 +398,7 @@ public final class TermsTest {
         return hall.value(0);
     }
 
-    private static void nearestIf() {
+    static void nearestIf() {
         int[] nearest = {0, 2, 1, 1};
         int[] outer = {2, 0, 1, 1};
         int[] both = {3, 2, 1, 1};
@@ -316,7 +417,7 @@ public final class TermsTest {
         syntax("while1(0){}$else{}");
     }
 
-    private static void loopNumbers() {
+    static void loopNumbers() {
         for (int n = 0; n <= 8; n++) {
             good("while" + n + "(0){}");
         }
@@ -330,7 +431,7 @@ public final class TermsTest {
         Hall.faultAt("while$09(0){}", 5);
     }
 
-    private static void assertionNumbers() {
+    static void assertionNumbers() {
         ProofHall hall = Hall.with("input a:3;if(a==0){}else assert a!=1;{while1(0)assert 0;}assert a!=2;"
             + "if(a==4)assert a!=4;else assert a!=3;");
         due("all are counted", () -> hall.count(5), 5);
@@ -345,7 +446,7 @@ public final class TermsTest {
         due("the RUN fails at 3", () -> hall.count(7), 3);
     }
 
-    private static void blocks() {
+    static void blocks() {
         good("{}");
         good("{}{}");
         good("{{}}");
@@ -370,7 +471,7 @@ public final class TermsTest {
     }
 
     /** Each of the neighbours, both ways round, where the other reading has another worth. */
-    private static void strengths() {
+    static void strengths() {
         String[] pairs = {
             "1||1&&0 = 1||(1&&0)", "0&&1||1 = (0&&1)||1",
             "1&&2|1 = 1&&(2|1)", "2|1&&0 = (2|1)&&0",
@@ -386,7 +487,6 @@ public final class TermsTest {
             String[] sides = pair.split(" = ");
             due(pair, () -> worth(sides[0]), worth(sides[1]));
         }
-        allPairs();
         due("1||1&&0", () -> worth("1||1&&0"), 1);
         due("(1||1)&&0", () -> worth("(1||1)&&0"), 0);
         due("2&3==3", () -> worth("2&3==3"), 0);
@@ -402,7 +502,7 @@ public final class TermsTest {
     }
 
     /** Any two signs behind one another: for no INPUTS anything else than with the ( ) that are due. */
-    private static void allPairs() {
+    static void levels() {
         int[] apart = {0};
         for (int i = 0; i < LOOSEST_FIRST.length; i++) {
             for (int j = 0; j < LOOSEST_FIRST.length; j++) {
@@ -421,7 +521,7 @@ public final class TermsTest {
         due("nearly all pairs tell the two readings apart", () -> apart[0] >= 300 ? 1 : apart[0], 1);
     }
 
-    private static void fromTheLeft() {
+    static void fromTheLeft() {
         String[] pairs = {"9-3-2 = (9-3)-2", "9-3+2 = (9-3)+2", "24/4/2 = (24/4)/2", "24/4*2 = (24/4)*2",
             "25%7%3 = (25%7)%3", "7*5%3 = (7*5)%3", "64>>1>>2 = (64>>1)>>2", "96>>2<<1 = (96>>2)<<1",
             "1<2<2 = (1<2)<2", "3>2>1 = (3>2)>1", "2>=2<=0 = (2>=2)<=0", "2==2==1 = (2==2)==1",
@@ -438,7 +538,7 @@ public final class TermsTest {
         due("most differ from the other way", () -> told >= 11 ? 1 : 0, 1);
     }
 
-    private static void choices() {
+    static void choices() {
         due("1?2:3", () -> worth("1?2:3"), 2);
         due("0?2:3", () -> worth("0?2:3"), 3);
         due("1?0?4:5:6", () -> worth("1?0?4:5:6"), 5);
@@ -459,7 +559,7 @@ public final class TermsTest {
         syntax("var x:1;x=1$:1;");
     }
 
-    private static void signsBefore() {
+    static void signsBefore() {
         due("!0", () -> worth("!0"), 1);
         due("!!2", () -> worth("!!2"), 1);
         due("~~5", () -> worth("~~5"), 5);
@@ -477,26 +577,24 @@ public final class TermsTest {
         syntax("assert $+1;");
     }
 
-    private static void depths() {
-        Hall.sentence("DEPTH: the ( that it's in: at most 30", () -> {
-            exprDepth("(", ")");
-            exprDepth("1+(", ")");
-        });
-        Hall.sentence("DEPTH: ! ~ - before: at most 30", () -> {
-            exprDepth("!", "");
-            exprDepth("~", "");
-            exprDepth("-", "");
-        });
-        Hall.sentence("DEPTH: of ?: both EXPRS", () -> {
-            exprDepth("1?", ":1");
-            exprDepth("1?1:", "");
-        });
-        Hall.sentence("DEPTH: the { that it's in: at most 30", () -> statementDepth("{", "}"));
-        Hall.sentence("DEPTH: of if: STATEMENTS, that behind else, too", TermsTest::ifDepth);
-        Hall.sentence("DEPTH: of while: STATEMENTS", TermsTest::whileDepth);
-        Hall.sentence("DEPTH: ) and } aren't in theirs", TermsTest::closers);
-        Hall.sentence("DEPTH: all kinds together", TermsTest::mixedDepth);
-        Hall.sentence("DEPTH: what is closed counts no more", TermsTest::closedDepth);
+    static void atMostThirty() {
+        exprDepth("(", ")");
+        exprDepth("1+(", ")");
+        exprDepth("!", "");
+        exprDepth("~", "");
+        exprDepth("-", "");
+        statementDepth("{", "}");
+    }
+
+    static void questionDepth() {
+        exprDepth("1?", ":1");
+        exprDepth("1?1:", "");
+        // What is asked stands where the ? does, and so does the : that is read.
+        good("assert " + times("(", 29) + "1?1:1" + times(")", 29) + ";");
+        Hall.fault("assert " + times("(", 30) + "1?1:1" + times(")", 30) + ";", 1, 7 + 30 + 2);
+        Hall.fault("assert " + times("(", 29) + "1?(1):1" + times(")", 29) + ";", 1, 7 + 29 + 3);
+        Hall.fault("assert " + times("(", 29) + "1?1:(1)" + times(")", 29) + ";", 1, 7 + 29 + 5);
+        good("assert " + times("(", 29) + "(1)?1:1" + times(")", 29) + ";");
     }
 
     /** 29, 30 and 31 of what opens a depth of an EXPR, for itself and in 29 and 30 blocks. */
@@ -539,7 +637,7 @@ public final class TermsTest {
         Hall.fault(times(open, 32) + times(close, 32), 1, open.length() * 31);
     }
 
-    private static void ifDepth() {
+    static void ifDepth() {
         good(times("if(1)", 29) + "assert 1;");
         good(times("if(1)", 30) + "assert 1;");
         good(times("if(1)", 30) + "{}");
@@ -562,7 +660,7 @@ public final class TermsTest {
         Hall.fault(times("{", 30) + "if(1){}" + times("}", 30), 1, 33);
     }
 
-    private static void whileDepth() {
+    static void whileDepth() {
         good(times("while1(1)", 29) + "assert 1;");
         good(times("while1(1)", 30) + "assert 1;");
         good(times("while1(1)", 30) + "{}");
@@ -573,7 +671,7 @@ public final class TermsTest {
         Hall.fault(times("{", 30) + "while1(1){}" + times("}", 30), 1, 30 + 7);
     }
 
-    private static void closers() {
+    static void closers() {
         good("assert" + times("(", 30) + "1" + times(")", 30) + "+1;");
         good(times("{", 31) + times("}", 31));
         good(times("{", 30) + "{}{}" + times("}", 30));
@@ -582,7 +680,7 @@ public final class TermsTest {
         Hall.fault(times("{", 31) + "{", 1, 31);
     }
 
-    private static void mixedDepth() {
+    static void mixedDepth() {
         String[] openers = {"{", "if(1)", "while1(1)", "if(1){}else "};
         String[] closers = {"}", "", "", ""};
         String[] inner = {"(", "!", "~", "-", "1?", "1?1:"};
@@ -599,7 +697,7 @@ public final class TermsTest {
         }
     }
 
-    private static void closedDepth() {
+    static void closedDepth() {
         good("assert(" + times("1)+(", 800) + "1);");
         good("assert !1" + times("&&!1", 600) + ";");
         good("assert(1?1:1)" + times("+(1?1:1)", 200) + ";");
@@ -612,23 +710,24 @@ public final class TermsTest {
         good("assert -" + times("1- -", 31) + "1;");
     }
 
-    private static void faults() {
-        Hall.sentence("1 SYNTAX: the first TOKEN with which it can't go on", TermsTest::firstToken);
-        Hall.sentence("1: TEXT's length, if it's the end", TermsTest::atTheEnd);
-        Hall.sentence("1: also a byte that begins none", TermsTest::foreignBytes);
-        Hall.sentence("1: a NUMBER above 255, a NAME above 8, too deep: which comes first", TermsTest::firstOfSyntax);
-        Hall.sentence("Else the first in TEXT of", TermsTest::firstInText);
-        Hall.sentence("2 a NAME that isn't declared before", TermsTest::undeclared);
-        Hall.sentence("3 declared twice", TermsTest::twice);
-        Hall.sentence("4 what's set is an INPUT", TermsTest::inputSet);
-        Hall.sentence("5 a WIDTH, or a while's NUMBER, that can't be", TermsTest::impossible);
-        Hall.sentence("6 INPUTS of more than 12 bits together", TermsTest::tooManyBits);
-        Hall.sentence("6 or more than 12 VARIABLES", TermsTest::tooManyVariables);
-        Hall.sentence("a DECL with 3 or 5 declares nothing and isn't counted", TermsTest::notCounted);
-        Hall.sentence("Else 7: WORK above 1500 (TEXT's length)", TermsTest::tooMuchWork);
+    /** Of TOKENS of several bytes, and with blanks before them, the first byte. */
+    static void firstByte() {
+        syntax(" \n $<<1;");
+        syntax("assert 1 \n $while;");
+        syntax("assert \n $256;");
+        syntax("assert\n\n  $abcdefghi;");
+        syntax("assert 1  $12 ;");
+        Hall.faultAt(" \n $abc = 1;", 2);
+        Hall.faultAt("assert  1+\n$abcdefgh ;", 2);
+        Hall.faultAt("var abc : 1; var \n  $abc : 1;", 3);
+        Hall.faultAt("input abc:1;\n\n $abc = 1;", 4);
+        Hall.faultAt("var abc : \n $100 ;", 5);
+        Hall.faultAt("while   $010 (1) {}", 5);
+        Hall.faultAt("input abc : 8 ; input \n $def : 8 ;", 6);
+        Hall.faultAt("$ab=1;", 2);
     }
 
-    private static void firstToken() {
+    static void firstToken() {
         syntax("$)");
         syntax("var x:1;$)x=1;");
         syntax("var x:1;x$)=1;");
@@ -655,7 +754,7 @@ public final class TermsTest {
         syntax("var x:1 $x=1;");
     }
 
-    private static void atTheEnd() {
+    static void atTheEnd() {
         String[] parts = {"assert", "assert 1", "assert(", "assert(1", "assert 1+", "assert !", "assert 1?", "assert 1?1",
             "assert 1?1:", "if", "if(", "if(1", "if(1)", "if(1){}else", "while", "while1", "while1(", "while1(1",
             "while1(1)", "{", "x", "x=", "x=1", "var", "input", "assert 1==", "assert 1!=", "assert 1<=", "assert 1>=",
@@ -670,7 +769,7 @@ public final class TermsTest {
         good("if(1){} ");
     }
 
-    private static void foreignBytes() {
+    static void foreignBytes() {
         for (int b = 0; b < 256; b++) {
             boolean letter = b >= 'a' && b <= 'z';
             boolean digit = b >= '0' && b <= '9';
@@ -687,7 +786,7 @@ public final class TermsTest {
         syntax("assert 1;$@)");
     }
 
-    private static void firstOfSyntax() {
+    static void firstOfSyntax() {
         syntax("assert $256+abcdefghi@;");
         syntax("assert $abcdefghi+256@;");
         syntax("assert $@+256;");
@@ -702,7 +801,7 @@ public final class TermsTest {
         syntax("x=$256;y=1;");
     }
 
-    private static void firstInText() {
+    static void firstInText() {
         Hall.faultAt("$x=y;", 2);
         Hall.faultAt("input a:1;$a=b;", 4);
         Hall.faultAt("input a:1;var x:1;x=$b;a=1;", 2);
@@ -723,7 +822,7 @@ public final class TermsTest {
         Hall.faultAt("input a:8;assert " + times("a*", 30) + "a;$a=1;", 4);
     }
 
-    private static void undeclared() {
+    static void undeclared() {
         Hall.faultAt("$x=1;", 2);
         good("var x:1;x=1;");
         Hall.faultAt("var x:1;x=$y;", 2);
@@ -742,7 +841,7 @@ public final class TermsTest {
         syntax("x=1;$var x:1;");
     }
 
-    private static void twice() {
+    static void twice() {
         good("var x:1;var y:1;");
         Hall.faultAt("var x:1;var $x:1;", 3);
         Hall.faultAt("var x:1;input $x:1;", 3);
@@ -752,14 +851,14 @@ public final class TermsTest {
         good("var abcdefgh:1;var abcdefgi:1;var bbcdefgh:1;");
     }
 
-    private static void inputSet() {
+    static void inputSet() {
         Hall.faultAt("input a:1;$a=1;", 4);
         good("input a:1;var x:1;x=a;");
         Hall.faultAt("input a:1;var x:1;x=a;{if(1)$a=x;}", 4);
         Hall.faultAt("var x:1;input a:1;x=1;$a=1;", 4);
     }
 
-    private static void impossible() {
+    static void impossible() {
         Hall.faultAt("var x:$0;", 5);
         good("var x:1;");
         good("var x:8;");
@@ -772,7 +871,7 @@ public final class TermsTest {
         Hall.faultAt("{if(1){}else while $200(1){}}", 5);
     }
 
-    private static void tooManyBits() {
+    static void tooManyBits() {
         good("input a:8;input b:3;");
         good("input a:8;input b:4;");
         Hall.faultAt("input a:8;input $b:5;", 6);
@@ -798,7 +897,7 @@ public final class TermsTest {
         return b.toString();
     }
 
-    private static void tooManyVariables() {
+    static void tooManyVariables() {
         good(variables(11));
         good(variables(12));
         Hall.faultAt(variables(12) + "var $m:1;", 6);
@@ -808,8 +907,16 @@ public final class TermsTest {
         Hall.faultAt("input m:8;input n:4;" + variables(12) + "var $o:8;", 6);
     }
 
+    /** Not where its WIDTH is, nor its WORD. */
+    static void atTheName() {
+        Hall.faultAt("input a:8; input   $bcd   :   5 ;", 6);
+        Hall.faultAt("input a:8;\ninput\n$bcd\n:\n8\n;", 6);
+        Hall.faultAt(variables(12) + "var   $mno : 1;", 6);
+        Hall.faultAt("input a:8;input b:4;var x:1;var y:1;input $c:1;input d:1;", 6);
+    }
+
     /** The DECL that would be too much is told for what else it has, behind the NAME though that is. */
-    private static void notCounted() {
+    static void notCounted() {
         Hall.faultAt("input a:8;input b:$9;", 5);
         Hall.faultAt("input a:8;input b:4;input c:$0;", 5);
         Hall.faultAt("input a:8;input $a:8;", 3);
@@ -824,7 +931,7 @@ public final class TermsTest {
         return times("assert 1;", asserts - 1) + "assert 1" + times("+1", more) + ";";
     }
 
-    private static void tooMuchWork() {
+    static void tooMuchWork() {
         for (int more = 3; more <= 5; more++) {
             String text = worth(187, more);
             ProofHall hall = new ProofHall();
@@ -872,24 +979,23 @@ public final class TermsTest {
         good("var x:1;while0(x)while8(x)while8(x)while8(x)while8(x)x=1;");
     }
 
-    private static void work() {
-        Hall.sentence("the greatest WIDTH of its outcome and operands", TermsTest::greatestWidth);
-        Hall.sentence("* / %: w times w", () -> signWork(new String[] {"*", "/", "%"}, 2));
-        Hall.sentence("<< >>: 4 w", () -> signWork(new String[] {"<<", ">>"}, 1));
-        Hall.sentence("others: w", () -> signWork(new String[] {"+", "-", "&", "|", "^", "==", "!=", "<", "<=", ">", ">=",
-            "&&", "||"}, 0));
-        Hall.sentence("others: w, of one operand and of three", TermsTest::otherWork);
-        Hall.sentence("NAMES, NUMBERS none", TermsTest::noWork);
-        Hall.sentence("Setting, assert, assume: its EXPR's and 8", TermsTest::simpleWork);
-        Hall.sentence("if: its EXPR's, both STATEMENTS', and 8 for each VARIABLE", TermsTest::ifWork);
-        Hall.sentence("while n: n times (..), and its EXPR's", TermsTest::whileWork);
+    static void squaredWork() {
+        signWork(new String[] {"*", "/", "%"}, 2);
+    }
+
+    static void fourfoldWork() {
+        signWork(new String[] {"<<", ">>"}, 1);
+    }
+
+    static void singleWork() {
+        signWork(new String[] {"+", "-", "&", "|", "^", "==", "!=", "<", "<=", ">", ">=", "&&", "||"}, 0);
     }
 
     private static void workIs(String text, int much) {
         due("WORK of " + text, () -> Hall.with(text).count(6), much);
     }
 
-    private static void greatestWidth() {
+    static void greatestWidth() {
         String start = "input a:3;input b:8;assert ";
         workIs(start + "a+b;", 16);
         workIs(start + "b+a;", 16);
@@ -922,7 +1028,7 @@ public final class TermsTest {
         }
     }
 
-    private static void otherWork() {
+    static void otherWork() {
         for (int w = 1; w <= 8; w++) {
             workIs("input a:" + w + ";assert !a;", 8 + w);
             workIs("input a:" + w + ";assert ~a;", 8 + w);
@@ -935,7 +1041,7 @@ public final class TermsTest {
         }
     }
 
-    private static void noWork() {
+    static void noWork() {
         workIs("", 0);
         workIs("{}{{}}", 0);
         workIs("input a:8;var x:8;", 0);
@@ -945,7 +1051,7 @@ public final class TermsTest {
         workIs("assert((((255))));", 8);
     }
 
-    private static void simpleWork() {
+    static void simpleWork() {
         workIs("var x:1;x=255;", 8);
         workIs("var x:8;x=1;", 8);
         workIs("var x:1;x=x+255;", 16);
@@ -957,7 +1063,7 @@ public final class TermsTest {
         workIs("{{assert 1;}assume 1;}", 16);
     }
 
-    private static void ifWork() {
+    static void ifWork() {
         for (int n = 0; n <= 12; n++) {
             workIs(variables(n) + "if(1){}", 8 * n);
             workIs(variables(n) + "if(1+1){}else{}", 1 + 8 * n);
@@ -968,7 +1074,7 @@ public final class TermsTest {
         workIs("input a:8;input b:4;if(a<b){}", 8);
     }
 
-    private static void whileWork() {
+    static void whileWork() {
         for (int n = 0; n <= 8; n++) {
             workIs("while" + n + "(1){}", 0);
             workIs("while" + n + "(1+1){}", n + 1);

@@ -3,10 +3,10 @@ import java.util.List;
 import java.util.function.IntSupplier;
 
 /**
- * The promises, and what the "Terms" say of the WITNESS and of refused calls: each sentence that
- * names a boundary has a test of its own, at the boundary and on both sides of it.
+ * Tests of what the document says of the promises, of the WITNESS and of refused calls, at each
+ * boundary and on both sides of it.
  */
-public final class BoundaryTest {
+final class CallSentences {
     private static final int BLANKS = 0x20202020;
 
     private static void due(String what, IntSupplier call, long want) {
@@ -44,20 +44,39 @@ public final class BoundaryTest {
         due(what + " changes nothing", () -> same ? 1 : 0, 1);
     }
 
-    public static void main(String[] args) {
-        Hall.sentence("used for at most 512 calls", BoundaryTest::manyCalls);
-        witnesses();
-        refusals();
-        texts();
-        builds();
-        questions();
-        inputs();
-        counts();
-        Hall.finish();
+    /** The questions of the first line, of one small program. */
+    static void allQuestions() {
+        ProofHall hall = Hall.with("input a:4;input b:4;var x:8;x=a;x=x*b;assert x!=143;");
+        due("whether an assertion can fail", hall::fails, 1);
+        due("for which least a", () -> hall.witness(0), 11);
+        due("for which least b", () -> hall.witness(1), 13);
+        due("which values x can have: the least", () -> hall.least(0), 0);
+        due("for which least a", () -> hall.witness(0), 0);
+        due("which values x can have: the greatest", () -> hall.greatest(0), 225);
+        due("for which least a", () -> hall.witness(0), 15);
+        due("which values x can have: 142", () -> hall.can(0, 142), 0);
+        due("which values x can have: 143", () -> hall.can(0, 143), 0);
+        due("which values x can have: 144", () -> hall.can(0, 144), 1);
+        due("for which least a", () -> hall.witness(0), 12);
+        due("for which least b", () -> hall.witness(1), 12);
+    }
+
+    /** Their answers are free, but a call throws nothing else than the document's exceptions, and ends. */
+    static void laterCalls() {
+        ProofHall hall = Hall.with("input a:4;var x:4;x=a;assert a!=9;");
+        IntSupplier[] calls = {hall::fails, () -> hall.failsAt(0), () -> hall.least(0), () -> hall.greatest(0),
+            () -> hall.differ(0, 0), () -> hall.can(0, 3), hall::ends, () -> hall.witness(0), hall::run, () -> hall.value(0),
+            () -> hall.count(9), () -> hall.end(0), () -> hall.feed(BLANKS, BLANKS, BLANKS, BLANKS, BLANKS),
+            () -> Hall.nothing(() -> hall.set(0, 5)), () -> Hall.nothing(hall::take), () -> hall.value(-1)};
+        for (int n = 0; n < 5000; n++) {
+            IntSupplier call = calls[n % calls.length];
+            due("call " + n, () -> Hall.outcome(call) == Hall.FOREIGN ? 0 : 1, 1);
+        }
+        due("build", () -> Hall.outcome(hall::build) == Hall.FOREIGN ? 0 : 1, 1);
     }
 
     /** The 511th and 512th call answer as the first ones. */
-    private static void manyCalls() {
+    static void manyCalls() {
         String text = "input a:8;input b:4;var x:8;x=a*b+a;assert x!=77;";
         ProofHall hall = Hall.with(text);
         int calls = (text.length() + 19) / 20 + 2;
@@ -87,14 +106,7 @@ public final class BoundaryTest {
         }
     }
 
-    private static void witnesses() {
-        Hall.sentence("INPUTS all together are a number, the first one highest", BoundaryTest::firstHighest);
-        Hall.sentence("The WITNESS is the least such number", BoundaryTest::leastNumber);
-        Hall.sentence("The WITNESS is 0 without INPUTS", BoundaryTest::withoutInputs);
-        Hall.sentence("none: there's no WITNESS (the one before is gone, too)", BoundaryTest::goneToo);
-    }
-
-    private static void firstHighest() {
+    static void firstHighest() {
         ProofHall hall = Hall.with("input a:2;input b:3;input c:7;assert !(a&&c>100||b==5&&c==3||b==6);");
         due("fails", hall::fails, 1);
         due("a", () -> hall.witness(0), 0);
@@ -112,7 +124,7 @@ public final class BoundaryTest {
     }
 
     /** Of 4096: the first, the second, the last but one and the last, and of two the lesser. */
-    private static void leastNumber() {
+    static void leastNumber() {
         int[] numbers = {0, 1, 2, 15, 16, 17, 2047, 2048, 4094, 4095};
         for (int n : numbers) {
             String is = "a==" + (n >> 4) + "&&b==" + (n & 15);
@@ -135,7 +147,30 @@ public final class BoundaryTest {
         due("the lesser one's b", () -> two.witness(1), 15);
     }
 
-    private static void withoutInputs() {
+    /** Each question has a RUN of its own that is asked for, and the least of all of them may be none. */
+    static void asAskedFor() {
+        ProofHall hall = Hall.with("input a:4;var x:4;var y:4;x=a;y=3;assume a>1;assert a!=4;assert a!=5;if(a==6)y=x;");
+        due("fails", hall::fails, 1);
+        due("the least that FAILS", () -> hall.witness(0), 4);
+        due("fails at 1", () -> hall.failsAt(1), 1);
+        due("the least that FAILS there", () -> hall.witness(0), 5);
+        due("least", () -> hall.least(0), 2);
+        due("the least that ENDS so", () -> hall.witness(0), 2);
+        due("greatest of y", () -> hall.greatest(1), 6);
+        due("the least that ENDS so", () -> hall.witness(0), 6);
+        due("x is 7", () -> hall.can(0, 7), 1);
+        due("the least that ENDS so", () -> hall.witness(0), 7);
+        due("x isn't y", () -> hall.differ(0, 1), 1);
+        due("the least that ENDS so", () -> hall.witness(0), 2);
+        due("x is 0 for one that is OUT", () -> hall.can(0, 0), 0);
+        due("x is 4 for one that FAILS", () -> hall.can(0, 4), 0);
+        due("take", () -> hall.can(1, 6), 1);
+        take(hall, 0);
+        due("the RUN is as asked for", hall::run, 0);
+        due("the RUN is as asked for", () -> hall.value(1), 6);
+    }
+
+    static void withoutInputs() {
         ProofHall hall = Hall.with("var x:4;var y:4;x=9;if(y)assert 0;");
         due("no WITNESS yet", () -> hall.count(8), 0);
         take(hall, Hall.MISSING);
@@ -158,7 +193,7 @@ public final class BoundaryTest {
     }
 
     /** Behind a question with a WITNESS one that has none: each kind of them. */
-    private static void goneToo() {
+    static void goneToo() {
         String text = "input a:4;var x:4;var y:4;x=a;y=a;assert a!=15;assert 1;";
         List<IntSupplier> without = new ArrayList<>();
         ProofHall hall = Hall.with(text);
@@ -198,9 +233,43 @@ public final class BoundaryTest {
         due("7", () -> safe.witness(0), 7);
     }
 
-    private static void refusals() {
-        Hall.sentence("REFUSED, which comes first: no PROGRAM", BoundaryTest::noProgram);
-        Hall.sentence("A refused call changes nothing, but as said", BoundaryTest::changesNothing);
+    private static Class<?> thrown(Runnable call) {
+        try {
+            call.run();
+            return null;
+        } catch (RuntimeException e) {
+            return e.getClass();
+        }
+    }
+
+    static void bad() {
+        Hall.must("end(1) of none", thrown(() -> new ProofHall().end(1)) == IllegalArgumentException.class);
+        Hall.must("end(-1)", thrown(() -> new ProofHall().end(-1)) == IllegalArgumentException.class);
+        Hall.must("end(0)", thrown(() -> new ProofHall().end(0)) == null);
+    }
+
+    static void missing() {
+        ProofHall hall = Hall.with("");
+        Runnable[] calls = {() -> hall.failsAt(0), () -> hall.least(0), () -> hall.greatest(0), () -> hall.differ(0, 0),
+            () -> hall.can(0, 0), () -> hall.witness(0), () -> hall.set(0, 0), hall::take, () -> hall.value(0)};
+        for (int i = 0; i < calls.length; i++) {
+            Hall.must("call " + i, thrown(calls[i]) == java.util.NoSuchElementException.class);
+        }
+    }
+
+    /** Without a PROGRAM nothing is there that a number could name, so both are due. */
+    static void namedFirst() {
+        ProofHall hall = new ProofHall();
+        Runnable[] calls = {() -> hall.failsAt(-1), () -> hall.least(-1), () -> hall.greatest(12), () -> hall.differ(-1, 12),
+            () -> hall.can(-1, 999), () -> hall.witness(-1), () -> hall.set(-1, 0), hall::take, () -> hall.value(-1)};
+        for (int i = 0; i < calls.length; i++) {
+            Hall.must("call " + i, thrown(calls[i]) == IllegalStateException.class);
+        }
+        Hall.feed(hall, "assert");
+        Hall.must("a FAULT", thrown(hall::build) == IllegalStateException.class);
+        for (int i = 0; i < calls.length; i++) {
+            Hall.must("behind a FAULT, call " + i, thrown(calls[i]) == IllegalStateException.class);
+        }
     }
 
     private static void refusesAll() {
@@ -224,7 +293,7 @@ public final class BoundaryTest {
         refuses("run", hall, hall::run, Hall.REFUSED);
     }
 
-    private static void noProgram() {
+    static void noProgram() {
         refusesAll();
         ProofHall spoiled = new ProofHall();
         Hall.feed(spoiled, "var x:1;x=y;");
@@ -239,7 +308,7 @@ public final class BoundaryTest {
         due("now it is", fed::run, 1);
     }
 
-    private static void changesNothing() {
+    static void changesNothing() {
         ProofHall hall = Hall.with("input a:4;input b:2;var x:4;var y:4;x=a;y=b;assert a!=9||b!=2;");
         due("fails", hall::fails, 1);
         set(hall, 0, 7, 0);
@@ -267,16 +336,7 @@ public final class BoundaryTest {
         due("the INPUTS are as before", () -> other.value(1), 0);
     }
 
-    private static void texts() {
-        Hall.sentence("1: No PROGRAM, TEXT is empty", BoundaryTest::newObject);
-        Hall.sentence("2: the twenty bytes of the numbers more, of each the highest first", BoundaryTest::twentyBytes);
-        Hall.sentence("2: More than 4096: IndexOutOfBoundsException", BoundaryTest::tooLong);
-        Hall.sentence("2: Answers its length", BoundaryTest::feedAnswers);
-        Hall.sentence("3: The last n bytes of TEXT go (0 or more, as many must be there; else bad)", BoundaryTest::lastGo);
-        Hall.sentence("3: The last n bytes of TEXT go: they count no more", BoundaryTest::goneBytes);
-    }
-
-    private static void newObject() {
+    static void newObject() {
         ProofHall hall = new ProofHall();
         int[] want = {-1, 0, 0, -1, 0, 0, 0, 0, -1, 0, 0, -1};
         for (int i = 0; i < want.length; i++) {
@@ -288,7 +348,7 @@ public final class BoundaryTest {
         due("run", hall::run, Hall.REFUSED);
     }
 
-    private static void twentyBytes() {
+    static void twentyBytes() {
         ProofHall hall = new ProofHall();
         // "assume 1;" and "assert 0;" and a blank and a byte of 128 and more, which goes again.
         due("feed", () -> hall.feed(0x61737375, 0x6d652031, 0x3b617373, 0x65727420, 0x303b20ff), 20);
@@ -324,7 +384,7 @@ public final class BoundaryTest {
         return hall.feed(BLANKS, BLANKS, BLANKS, BLANKS, BLANKS);
     }
 
-    private static void tooLong() {
+    static void tooLong() {
         for (int more = 0; more <= 20; more++) {
             // Of 4060 + more bytes, 20 more are too many if more is above 16.
             ProofHall hall = new ProofHall();
@@ -349,7 +409,7 @@ public final class BoundaryTest {
         due("there's room again", () -> feedBlanks(full), 20);
     }
 
-    private static void feedAnswers() {
+    static void feedAnswers() {
         ProofHall hall = new ProofHall();
         for (int n = 1; n <= 204; n++) {
             int length = 20 * n;
@@ -358,7 +418,22 @@ public final class BoundaryTest {
         }
     }
 
-    private static void lastGo() {
+    static void endAnswers() {
+        ProofHall hall = new ProofHall();
+        for (int n = 0; n < 12; n++) {
+            feedBlanks(hall);
+        }
+        int length = 240;
+        for (int n = 0; length - n >= 0; n++) {
+            length -= n;
+            int go = n;
+            int left = length;
+            due("end(" + n + ")", () -> hall.end(go), left);
+            due("count(0)", () -> hall.count(0), left);
+        }
+    }
+
+    static void lastGo() {
         ProofHall hall = new ProofHall();
         int[] bad = {Integer.MIN_VALUE, -4097, -20, -1, 1, 20, 4096, Integer.MAX_VALUE};
         for (int n : bad) {
@@ -395,7 +470,7 @@ public final class BoundaryTest {
     }
 
     /** What stands behind TEXT's end in no way goes on with its last TOKEN, nor with its blanks. */
-    private static void goneBytes() {
+    static void goneBytes() {
         String[] texts = {"", " ", "assert", "assert a", "assert abcdefgh", "assert 2", "assert 255", "assert 1<", "assert 1&",
             "assert 1!", "assert 1=", "assert 1|", "assert 1>", "assert 1 ", "assert 1", "{", "if", "i", "input", "var x:1"};
         String[] gone = {"aaaa", "0000", "9999", "====", "<<<<", ">>>>", "&&&&", "||||", "    ", ";;;;", "}}}}", "@@@@"};
@@ -414,17 +489,7 @@ public final class BoundaryTest {
         }
     }
 
-    private static void builds() {
-        Hall.sentence("4: TEXT is the PROGRAM now", BoundaryTest::programNow);
-        Hall.sentence("4: TEXT is the PROGRAM now, also behind a FAULT", BoundaryTest::behindFaults);
-        Hall.sentence("4: TEXT is the PROGRAM now, also behind a full one", BoundaryTest::behindFull);
-        Hall.sentence("4: TEXT is empty then, whatever happens", BoundaryTest::emptyThen);
-        Hall.sentence("4: A FAULT: the one before stays, with its INPUTS, WITNESS and RUN", BoundaryTest::oneBeforeStays);
-        Hall.sentence("4: INPUTS are 0, there's no WITNESS, no RUN", BoundaryTest::allAnew);
-        Hall.sentence("4: Answers how many assertions", BoundaryTest::howMany);
-    }
-
-    private static void emptyThen() {
+    static void emptyThen() {
         String[] texts = {"", " ", "assert 0;", "assert", "x=1;", "var x:1;var x:1;", "input a:1;a=1;", "var x:9;",
             "input a:8;input b:8;", "var x:8;while8(x)while8(x)while8(x)x=1;"};
         for (int kind = 0; kind < texts.length; kind++) {
@@ -441,7 +506,7 @@ public final class BoundaryTest {
     }
 
     /** Of PROGRAMS before, nothing counts: neither their INPUTS, VARIABLES, assertions nor STATEMENTS. */
-    private static void programNow() {
+    static void programNow() {
         StringBuilder full = new StringBuilder("input a:8;input b:4;");
         for (char c = 'c'; c <= 'n'; c++) {
             full.append("var ").append(c).append(":8;");
@@ -474,7 +539,7 @@ public final class BoundaryTest {
     }
 
     /** Nor what was open where one had a fault. */
-    private static void behindFaults() {
+    static void behindFaults() {
         String[] open = {"{".repeat(30) + "@", "while1(1)".repeat(29) + "@", "if(1)".repeat(29) + "@", "assert " + "(".repeat(29),
             "assert " + "1||1&&(".repeat(29), "if(1){}else ".repeat(29), "while1(1)".repeat(29) + "{}}"};
         for (String text : open) {
@@ -499,7 +564,7 @@ public final class BoundaryTest {
     }
 
     /** Nor how much of it there was: two full ones behind one another. */
-    private static void behindFull() {
+    static void behindFull() {
         String[] full = {"assert 1" + "+1".repeat(2035), "{" + "{}".repeat(2035), "if(1){}".repeat(580) + "{",
             "while0(0){" + "assert0;".repeat(505), "assert " + "!".repeat(29) + "1" + "&&!!1".repeat(800)};
         for (String text : full) {
@@ -528,7 +593,7 @@ public final class BoundaryTest {
         return hall;
     }
 
-    private static void oneBeforeStays() {
+    static void oneBeforeStays() {
         String[] texts = {"assert", "x=1;z=1;", "var x:1;var x:1;", "input a:1;a=1;", "var x:9;", "input a:8;input b:8;",
             "input b:8;var x:8;while8(x)while8(x)while8(x)x=1;assert x;assert b;"};
         for (int i = 0; i < texts.length; i++) {
@@ -552,7 +617,7 @@ public final class BoundaryTest {
         }
     }
 
-    private static void allAnew() {
+    static void allAnew() {
         String[] texts = {"input a:4;var x:4;var y:8;x=a;y=a+1;assert a!=6;", "input a:8;input b:4;var x:8;var y:8;x=a;y=b;"};
         for (String text : texts) {
             ProofHall hall = used();
@@ -572,7 +637,7 @@ public final class BoundaryTest {
         }
     }
 
-    private static void howMany() {
+    static void howMany() {
         int[] many = {0, 1, 2, 186, 187};
         for (int n : many) {
             ProofHall hall = new ProofHall();
@@ -590,22 +655,7 @@ public final class BoundaryTest {
         due("in branches and loops, each once", in::build, 3);
     }
 
-    private static void questions() {
-        Hall.sentence("5: Whether any RUN FAILS: 1, with the WITNESS, or 0", BoundaryTest::anyFails);
-        Hall.sentence("6: No such one: missing", BoundaryTest::noSuchAssertion);
-        Hall.sentence("7: The least VALUE when a RUN ENDS; its WITNESS", BoundaryTest::leastValue);
-        Hall.sentence("7: No RUN ENDS: -1", BoundaryTest::noneEnds);
-        Hall.sentence("7, 8: No such VARIABLE: missing", BoundaryTest::noSuchVariable);
-        Hall.sentence("8: The greatest one, likewise", BoundaryTest::greatestValue);
-        Hall.sentence("9: VARIABLES v and w not the same: 1, or 0 (also if v is w)", BoundaryTest::notTheSame);
-        Hall.sentence("9: One isn't there: missing", BoundaryTest::oneMissing);
-        Hall.sentence("10: VARIABLE v being x (any int)", BoundaryTest::anyInt);
-        Hall.sentence("10: No such VARIABLE: missing", BoundaryTest::canMissing);
-        Hall.sentence("11: at most 20 are counted", BoundaryTest::atMostTwenty);
-        Hall.sentence("11: (No WITNESS then.)", BoundaryTest::noWitnessThen);
-    }
-
-    private static void anyFails() {
+    static void anyFails() {
         due("no assertion", () -> Hall.with("input a:8;").fails(), 0);
         due("one that holds", () -> Hall.with("input a:8;assert a<=255;").fails(), 0);
         due("one that fails for one", () -> Hall.with("input a:8;assert a<255;").fails(), 1);
@@ -623,7 +673,27 @@ public final class BoundaryTest {
         due("is 1", () -> later.witness(0), 1);
     }
 
-    private static void noSuchAssertion() {
+    static void failsThere() {
+        ProofHall hall = Hall.with("input a:8;assert a!=200;assert 1;if(a>9)assert a!=100;assert a!=200;assume a!=5;assert a!=5;"
+            + "while3(a<3)assert a!=2;");
+        int[] witness = {200, -1, 100, -1, -1, 2};
+        for (int i = 0; i < witness.length; i++) {
+            int k = i;
+            due("failsAt " + k, () -> hall.failsAt(k), witness[k] < 0 ? 0 : 1);
+            due("its WITNESS", () -> hall.witness(0), witness[k] < 0 ? Hall.MISSING : witness[k]);
+            due("is there one", () -> hall.count(8), witness[k] < 0 ? 0 : 1);
+            if (witness[k] >= 0) {
+                take(hall, 0);
+                due("it FAILS", hall::run, 1);
+                due("there", () -> hall.count(7), k);
+            }
+        }
+        ProofHall loop = Hall.with("input a:3;var x:3;while7(x<a){assert x!=3;x=x+1;}");
+        due("in a later round", () -> loop.failsAt(0), 1);
+        due("for 4 rounds", () -> loop.witness(0), 4);
+    }
+
+    static void noSuchAssertion() {
         int[] none = {Integer.MIN_VALUE, -1, 2, 3, Integer.MAX_VALUE};
         ProofHall hall = Hall.with("input a:2;assert a!=2;assert a!=1;");
         for (int k : none) {
@@ -637,7 +707,7 @@ public final class BoundaryTest {
         due("of none", () -> Hall.with("").failsAt(-1), Hall.MISSING);
     }
 
-    private static void leastValue() {
+    static void leastValue() {
         int[] lows = {0, 1, 2, 127, 128, 129, 254, 255};
         for (int low : lows) {
             ProofHall hall = Hall.with("input a:8;input b:2;var x:8;x=a;assume a>=" + low + ";assert b!=0;");
@@ -657,7 +727,7 @@ public final class BoundaryTest {
         due("the first of them", () -> same.witness(0), 240);
     }
 
-    private static void noneEnds() {
+    static void noneEnds() {
         String[] texts = {"var x:8;x=9;assert 0;", "var x:8;x=9;assume 0;", "var x:8;while0(1){}",
             "input a:8;input b:4;var x:8;x=a;assert a+b<9;assume a+b>8;"};
         for (String text : texts) {
@@ -677,7 +747,7 @@ public final class BoundaryTest {
         due("with 15", () -> one.witness(1), 15);
     }
 
-    private static void noSuchVariable() {
+    static void noSuchVariable() {
         int[] none = {Integer.MIN_VALUE, -1, 2, 12, Integer.MAX_VALUE};
         ProofHall hall = Hall.with("input a:2;var x:2;var y:3;x=a;y=a+4;");
         due("a question before", () -> hall.can(0, 3), 1);
@@ -704,7 +774,7 @@ public final class BoundaryTest {
         due("no thirteenth", () -> all.value(12), Hall.MISSING);
     }
 
-    private static void greatestValue() {
+    static void greatestValue() {
         int[] tops = {0, 1, 126, 127, 128, 254, 255};
         for (int high : tops) {
             ProofHall hall = Hall.with("input a:8;input b:2;var x:8;x=a;assume a<=" + high + ";assert b>1;");
@@ -720,7 +790,7 @@ public final class BoundaryTest {
         }
     }
 
-    private static void notTheSame() {
+    static void notTheSame() {
         for (int bit = 0; bit < 8; bit++) {
             int flip = 1 << bit;
             ProofHall hall = Hall.with("input a:8;var x:8;var y:8;x=a;y=a;if(a==200)y=a^" + flip + ";");
@@ -728,8 +798,6 @@ public final class BoundaryTest {
             due("its witness", () -> hall.witness(0), 200);
             due("the other way round", () -> hall.differ(1, 0), 1);
             due("its witness", () -> hall.witness(0), 200);
-            due("with itself", () -> hall.differ(1, 1), 0);
-            due("no WITNESS then", () -> hall.count(8), 0);
         }
         ProofHall widths = Hall.with("input a:4;var x:4;var y:8;var z:3;x=a;y=a;z=a;");
         due("other WIDTHS, the same", () -> widths.differ(0, 1), 0);
@@ -742,7 +810,18 @@ public final class BoundaryTest {
         due("with 1", () -> ending.witness(0), 1);
     }
 
-    private static void oneMissing() {
+    static void withItself() {
+        ProofHall hall = Hall.with("input a:8;var x:8;var y:8;x=a;y=a^255;");
+        for (int v = 0; v < 2; v++) {
+            int which = v;
+            due("differ", () -> hall.differ(0, 1), 1);
+            due("a WITNESS", () -> hall.count(8), 1);
+            due("with itself", () -> hall.differ(which, which), 0);
+            due("no WITNESS then", () -> hall.count(8), 0);
+        }
+    }
+
+    static void oneMissing() {
         ProofHall hall = Hall.with("input a:2;var x:2;var y:3;x=a;y=a+4;");
         due("differ", () -> hall.differ(0, 1), 1);
         int[] none = {Integer.MIN_VALUE, -1, 2, 12, Integer.MAX_VALUE};
@@ -753,7 +832,7 @@ public final class BoundaryTest {
         }
     }
 
-    private static void anyInt() {
+    static void anyInt() {
         for (int w = 1; w <= 8; w++) {
             int top = (1 << w) - 1;
             ProofHall hall = Hall.with("input a:8;var x:" + w + ";x=a;");
@@ -777,7 +856,7 @@ public final class BoundaryTest {
         due("its witness", () -> held.witness(0), 79);
     }
 
-    private static void canMissing() {
+    static void canMissing() {
         int[] none = {Integer.MIN_VALUE, -1, 1, 2, 12, Integer.MAX_VALUE};
         ProofHall hall = Hall.with("input a:2;var x:2;x=a;");
         due("can", () -> hall.can(0, 2), 1);
@@ -787,7 +866,7 @@ public final class BoundaryTest {
         }
     }
 
-    private static void atMostTwenty() {
+    static void atMostTwenty() {
         int[] many = {0, 1, 2, 18, 19, 20, 21, 22, 40, 128, 255, 256};
         for (int n : many) {
             String most = n == 256 ? "assert 1;" : "assert a<" + n + ";";
@@ -806,7 +885,7 @@ public final class BoundaryTest {
         due("INPUTS nothing hangs on count, too", () -> Hall.with("input a:1;input b:4;assume a;").ends(), 16);
     }
 
-    private static void noWitnessThen() {
+    static void noWitnessThen() {
         int[] many = {0, 1, 19, 20, 21};
         for (int n : many) {
             ProofHall hall = Hall.with("input a:8;var x:8;x=a;assert a<" + n + ";");
@@ -819,17 +898,7 @@ public final class BoundaryTest {
         }
     }
 
-    private static void inputs() {
-        Hall.sentence("12: INPUT i of the WITNESS. Not there: missing", BoundaryTest::witnessThere);
-        Hall.sentence("13: INPUT i is x (cut to its WIDTH) in RUNS from now on", BoundaryTest::setIsCut);
-        Hall.sentence("13: Not there: missing", BoundaryTest::setMissing);
-        Hall.sentence("14: INPUTS are those of the WITNESS. None: missing", BoundaryTest::takesAll);
-        Hall.sentence("15: Answers 0 if it ENDS, 1 if it FAILS, 2 if it's OUT", BoundaryTest::runAnswers);
-        Hall.sentence("16: VARIABLE v as the latest RUN left it; 0 without", BoundaryTest::asLeft);
-        Hall.sentence("16: Not there: missing", BoundaryTest::valueMissing);
-    }
-
-    private static void witnessThere() {
+    static void witnessThere() {
         StringBuilder text = new StringBuilder();
         StringBuilder all = new StringBuilder("1");
         for (char c = 'a'; c <= 'l'; c++) {
@@ -837,27 +906,41 @@ public final class BoundaryTest {
             all.append(c % 2 == 0 ? "&&" : "&&!").append(c);
         }
         ProofHall hall = Hall.with(text + "assert !(" + all + ");");
-        int[] none = {Integer.MIN_VALUE, -1, 12, 13, Integer.MAX_VALUE};
-        due("none before a question", () -> hall.witness(0), Hall.MISSING);
         due("fails", hall::fails, 1);
         for (int i = 0; i < 12; i++) {
             int which = i;
             due("INPUT " + i, () -> hall.witness(which), i % 2);
         }
-        for (int i : none) {
-            refuses("no INPUT " + i, hall, () -> hall.witness(i), Hall.MISSING);
-        }
         ProofHall two = Hall.with("input a:8;input b:4;var x:1;assert a<255||b<15;");
         due("fails", two::fails, 1);
         due("the greatest a", () -> two.witness(0), 255);
         due("the greatest b", () -> two.witness(1), 15);
-        due("no third", () -> two.witness(2), Hall.MISSING);
         set(two, 0, 3, 0);
         due("run", two::run, 0);
         due("it stays as it is", () -> two.witness(0), 255);
     }
 
-    private static void setIsCut() {
+    static void witnessMissing() {
+        StringBuilder text = new StringBuilder();
+        for (char c = 'a'; c <= 'l'; c++) {
+            text.append("input ").append(c).append(":1;");
+        }
+        ProofHall hall = Hall.with(text + "assert !l;");
+        int[] none = {Integer.MIN_VALUE, -1, 12, 13, Integer.MAX_VALUE};
+        due("none before a question", () -> hall.witness(0), Hall.MISSING);
+        due("fails", hall::fails, 1);
+        for (int i : none) {
+            refuses("no INPUT " + i, hall, () -> hall.witness(i), Hall.MISSING);
+        }
+        due("the last", () -> hall.witness(11), 1);
+        ProofHall two = Hall.with("input a:8;input b:4;assert b;");
+        due("fails", two::fails, 1);
+        due("the second", () -> two.witness(1), 0);
+        due("no third", () -> two.witness(2), Hall.MISSING);
+        due("of none", () -> Hall.with("assert 1;").witness(0), Hall.MISSING);
+    }
+
+    static void setIsCut() {
         for (int w = 1; w <= 8; w++) {
             int top = (1 << w) - 1;
             ProofHall hall = Hall.with("input a:" + w + ";input b:4;var x:8;var y:8;x=a;y=b;");
@@ -875,7 +958,7 @@ public final class BoundaryTest {
         }
     }
 
-    private static void setMissing() {
+    static void setMissing() {
         ProofHall hall = Hall.with("input a:4;input b:4;var x:8;var y:8;x=a;y=b;");
         set(hall, 0, 5, 0);
         set(hall, 1, 6, 0);
@@ -890,14 +973,10 @@ public final class BoundaryTest {
         set(without, 0, 1, Hall.MISSING);
     }
 
-    private static void takesAll() {
+    static void takesAll() {
         ProofHall hall = Hall.with("input a:8;input b:4;var x:8;var y:8;x=a;y=b;assert a<255||b<15;");
         set(hall, 0, 3, 0);
         set(hall, 1, 4, 0);
-        take(hall, Hall.MISSING);
-        due("run", hall::run, 0);
-        due("a is as before", () -> hall.value(0), 3);
-        due("b is as before", () -> hall.value(1), 4);
         due("fails", hall::fails, 1);
         due("run", hall::run, 0);
         due("not before take", () -> hall.value(0), 3);
@@ -910,14 +989,47 @@ public final class BoundaryTest {
         due("the WITNESS stays", () -> hall.witness(0), 255);
         take(hall, 0);
         due("and can be taken again", hall::run, 1);
-        due("none", () -> hall.can(0, 256), 0);
-        take(hall, Hall.MISSING);
-        due("the INPUTS stay", hall::run, 1);
-        due("ends", hall::ends, 20);
-        take(hall, Hall.MISSING);
     }
 
-    private static void runAnswers() {
+    static void nothingToTake() {
+        ProofHall hall = Hall.with("input a:8;input b:4;var x:8;var y:8;x=a;y=b;assert a<255||b<15;");
+        set(hall, 0, 3, 0);
+        set(hall, 1, 4, 0);
+        take(hall, Hall.MISSING);
+        due("run", hall::run, 0);
+        due("a is as before", () -> hall.value(0), 3);
+        due("b is as before", () -> hall.value(1), 4);
+        due("none", () -> hall.can(0, 256), 0);
+        take(hall, Hall.MISSING);
+        due("run", hall::run, 0);
+        due("a is as before", () -> hall.value(0), 3);
+        due("ends", hall::ends, 20);
+        take(hall, Hall.MISSING);
+        due("fails", hall::fails, 1);
+        take(hall, 0);
+        due("run", hall::run, 1);
+    }
+
+    /** Of the INPUTS as they were set, of nothing else, and as often as it's asked for. */
+    static void oneRun() {
+        ProofHall hall = Hall.with("input a:4;var x:8;x=x+a+1;");
+        due("no RUN before", () -> hall.value(0), 0);
+        due("run", hall::run, 0);
+        due("INPUTS of 0", () -> hall.value(0), 1);
+        set(hall, 0, 6, 0);
+        for (int n = 0; n < 3; n++) {
+            due("run", hall::run, 0);
+            due("each from the beginning", () -> hall.value(0), 7);
+        }
+        due("a question", () -> hall.can(0, 3), 1);
+        due("its WITNESS isn't taken", hall::run, 0);
+        due("the INPUTS are as set", () -> hall.value(0), 7);
+        Hall.feed(hall, "x=1;");
+        due("TEXT is no part of it", hall::run, 0);
+        due("TEXT is no part of it", () -> hall.value(0), 7);
+    }
+
+    static void runAnswers() {
         ProofHall hall = Hall.with("input a:2;assert a!=1;assume a!=2;");
         int[] want = {0, 1, 2, 0};
         for (int a = 0; a < 4; a++) {
@@ -929,12 +1041,8 @@ public final class BoundaryTest {
         due("of 3", hall::run, 0);
     }
 
-    private static void asLeft() {
+    static void asLeft() {
         ProofHall hall = Hall.with("input a:2;var x:8;var y:8;x=a+10;assert a!=1;y=20;assume a!=2;y=30;");
-        due("0 without", () -> hall.value(0), 0);
-        due("0 without", () -> hall.value(1), 0);
-        due("a question is no RUN", () -> hall.greatest(0), 13);
-        due("0 without", () -> hall.value(0), 0);
         int[] y = {30, 0, 20, 30};
         for (int a = 0; a < 4; a++) {
             set(hall, 0, a, 0);
@@ -946,7 +1054,21 @@ public final class BoundaryTest {
         }
     }
 
-    private static void valueMissing() {
+    static void zeroWithout() {
+        ProofHall hall = Hall.with("input a:2;var x:8;var y:8;x=a+10;y=7;");
+        due("0 without", () -> hall.value(0), 0);
+        due("0 without", () -> hall.value(1), 0);
+        due("a question is no RUN", () -> hall.greatest(0), 13);
+        due("0 without", () -> hall.value(0), 0);
+        due("run", hall::run, 0);
+        due("not 0 with one", () -> hall.value(1), 7);
+        Hall.feed(hall, "input a:2;var x:8;var y:8;x=a+10;y=7;");
+        due("build", hall::build, 0);
+        due("0 without", () -> hall.value(0), 0);
+        due("0 without", () -> hall.value(1), 0);
+    }
+
+    static void valueMissing() {
         ProofHall hall = Hall.with("input a:2;var x:8;var y:8;x=5;y=6;");
         int[] none = {Integer.MIN_VALUE, -1, 2, 12, Integer.MAX_VALUE};
         for (int v : none) {
@@ -961,18 +1083,7 @@ public final class BoundaryTest {
         due("of none", () -> Hall.with("").value(0), Hall.MISSING);
     }
 
-    private static void counts() {
-        Hall.sentence("17: TEXT's length (0)", BoundaryTest::countsText);
-        Hall.sentence("17: the latest FAULT (1, 0 before any; a build without one leaves it), its WHERE (2, -1 before any)",
-            BoundaryTest::countsFaults);
-        Hall.sentence("17: INPUTS (3), VARIABLES (4), assertions (5), WORK (6), each 0 without one", BoundaryTest::countsProgram);
-        Hall.sentence("17: the assertion at which the latest RUN FAILED (7), -1 without", BoundaryTest::countsFailed);
-        Hall.sentence("17: 1 if there's a WITNESS (8)", BoundaryTest::countsWitness);
-        Hall.sentence("17: which must never be (9)", BoundaryTest::countsNever);
-        Hall.sentence("17: else -1", BoundaryTest::countsElse);
-    }
-
-    private static void countsText() {
+    static void countsText() {
         ProofHall hall = new ProofHall();
         due("empty", () -> hall.count(0), 0);
         due("feed", () -> feedBlanks(hall), 20);
@@ -983,7 +1094,7 @@ public final class BoundaryTest {
         due("empty", () -> hall.count(0), 0);
     }
 
-    private static void countsFaults() {
+    static void countsFaults() {
         String[] texts = {"var x:1;x=1", "  y=1;", "var x:1;var x:1;", "input a:1;a=1;", "while9(1){}", "input a:8;input b:8;",
             "var x:8;while8(x)while8(x)while8(x)x=1;"};
         int[] where = {11, 2, 12, 10, 5, 16, 39};
@@ -1012,7 +1123,25 @@ public final class BoundaryTest {
         due("WHERE 0", () -> empty.count(2), 0);
     }
 
-    private static void countsProgram() {
+    /** Its WHERE, too: before any, of each FAULT, and behind a build without one. */
+    static void countsWhere() {
+        ProofHall hall = new ProofHall();
+        due("-1 before any", () -> hall.count(2), -1);
+        due("build", hall::build, 0);
+        due("-1 before any", () -> hall.count(2), -1);
+        String[] texts = {"}", " }", "assert 1", "y=1;", "assert 1;assert y;"};
+        int[] where = {0, 1, 8, 0, 16};
+        for (int i = 0; i < texts.length; i++) {
+            int at = where[i];
+            Hall.feed(hall, texts[i]);
+            due("build of " + texts[i], hall::build, Hall.REFUSED);
+            due("where in " + texts[i], () -> hall.count(2), at);
+            due("build", hall::build, 0);
+            due("it stays", () -> hall.count(2), at);
+        }
+    }
+
+    static void countsProgram() {
         ProofHall hall = new ProofHall();
         for (int i = 3; i <= 6; i++) {
             int what = i;
@@ -1048,7 +1177,7 @@ public final class BoundaryTest {
         due("WORK of 1500", () -> full.count(6), 1500);
     }
 
-    private static void countsFailed() {
+    static void countsFailed() {
         ProofHall hall = Hall.with("input a:3;assert a!=1;assert a!=2;assume a!=3;assert a!=4;");
         due("without a RUN", () -> hall.count(7), -1);
         int[] at = {-1, 0, 1, -1, 2, -1};
@@ -1068,7 +1197,7 @@ public final class BoundaryTest {
         due("no RUN", () -> hall.count(7), -1);
     }
 
-    private static void countsWitness() {
+    static void countsWitness() {
         ProofHall hall = Hall.with("input a:3;var x:3;x=a;assert a!=1;");
         due("none", () -> hall.count(8), 0);
         due("can", () -> hall.can(0, 1), 0);
@@ -1086,7 +1215,7 @@ public final class BoundaryTest {
     }
 
     /** Proofs of many steps, models of all kinds; behind each call it is 0. */
-    private static void countsNever() {
+    static void countsNever() {
         String[] texts = {"", "assert 0;", "input a:8;input b:4;var x:8;var y:8;x=a*b;y=b*a;assert x==y;",
             "input a:6;input b:6;var x:8;var y:8;x=(a+b)*(a+b);y=a*a+b*b+2*a*b;assert a/b*b+a%b==a||!b;",
             "input a:8;input b:4;var x:8;var y:8;while8(x<b)x=x+1;y=a%(x+1);assert y<=x;",
@@ -1118,7 +1247,7 @@ public final class BoundaryTest {
         due("behind a fault", () -> spoiled.count(9), 0);
     }
 
-    private static void countsElse() {
+    static void countsElse() {
         ProofHall hall = Hall.with("input a:3;assert a;");
         int[] none = {Integer.MIN_VALUE, -2, -1, 10, 11, 16, 256, Integer.MAX_VALUE};
         for (int what : none) {
@@ -1126,5 +1255,32 @@ public final class BoundaryTest {
         }
         due("count(9)", () -> hall.count(9), 0);
         due("count(0)", () -> hall.count(0), 0);
+    }
+
+    /** Of two that are used by turns, neither knows of the other. */
+    static void twoObjects() {
+        ProofHall first = new ProofHall();
+        ProofHall second = new ProofHall();
+        Hall.feed(first, "input a:4;var x:4;x=a;assert a!=9;");
+        due("TEXT of the other", () -> second.count(0), 0);
+        Hall.feed(second, "input a:4;input b:4;var x:8;x=a+b;assert 0;assert 1;");
+        due("build", first::build, 1);
+        due("no PROGRAM of the other", second::run, Hall.REFUSED);
+        due("build", second::build, 2);
+        due("fails", first::fails, 1);
+        due("no WITNESS of the other", () -> second.count(8), 0);
+        due("greatest", () -> second.greatest(0), -1);
+        due("its WITNESS stays", () -> first.witness(0), 9);
+        set(first, 0, 7, 0);
+        due("run of the other", second::run, 1);
+        due("run", first::run, 0);
+        due("value", () -> first.value(0), 7);
+        due("value of the other", () -> second.value(0), 0);
+        due("failed", () -> second.count(7), 0);
+        due("not failed", () -> first.count(7), -1);
+        Hall.feed(first, "}");
+        due("a FAULT", first::build, Hall.REFUSED);
+        due("none of the other", () -> second.count(1), 0);
+        due("least", () -> first.least(0), 0);
     }
 }

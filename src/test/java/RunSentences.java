@@ -1,11 +1,10 @@
 import java.util.function.IntSupplier;
 
 /**
- * What the document's "Terms" say of VALUES and of a RUN: each sentence that names a boundary has a
- * test of its own. A rule is held against RUNS with the INPUTS at and around the boundaries, and
- * against what the questions answer for all INPUTS.
+ * Tests of what the document's "Terms" say of VALUES and of a RUN. A rule is held against RUNS with
+ * the INPUTS at and around the boundaries, and against what the questions answer for all INPUTS.
  */
-public final class ValuesTest {
+final class RunSentences {
     /** What an operation on x and y is, of WIDTHS wx and wy; not yet cut. */
     private interface Rule {
         int worth(int x, int y, int wx, int wy);
@@ -17,16 +16,6 @@ public final class ValuesTest {
 
     private static int top(int width) {
         return (1 << width) - 1;
-    }
-
-    public static void main(String[] args) {
-        widthsOfNumbers();
-        arithmetic();
-        comparisons();
-        oneOperand();
-        settings();
-        runs();
-        Hall.finish();
     }
 
     /** The boundary, and on both sides of it: the ends of a WIDTH, and its middle. */
@@ -103,30 +92,6 @@ public final class ValuesTest {
         due(which + ", its b", () -> hall.witness(1), number < 0 ? Hall.MISSING : number & top(bits));
     }
 
-    private static void widthsOfNumbers() {
-        Hall.sentence("A NUMBER: the least WIDTH that has it, 1 at least", () -> {
-            for (int n = 0; n <= 255; n++) {
-                int width = Math.max(1, 32 - Integer.numberOfLeadingZeros(n));
-                int number = n;
-                due("~" + number, () -> alone("~" + number), ~number & top(width));
-                due(number + "|~" + number, () -> alone(number + "|~" + number), top(width));
-            }
-        });
-        Hall.sentence("VALUES have a WIDTH w and are 0 .. 2^w - 1", () -> {
-            for (int w = 1; w <= 8; w++) {
-                ProofHall hall = Hall.with("input a:" + w + ";var x:" + w + ";var y:8;x=a;y=a;");
-                int width = w;
-                due("least of " + w + " bits", () -> hall.least(0), 0);
-                due("greatest of " + w + " bits", () -> hall.greatest(0), top(width));
-                due("greatest INPUT of " + w + " bits", () -> hall.greatest(1), top(width));
-                due("its witness", () -> hall.witness(0), top(width));
-                due("its greatest", () -> hall.can(0, top(width)), 1);
-                due("one more", () -> hall.can(0, top(width) + 1), 0);
-                due("one less than 0", () -> hall.can(0, -1), 0);
-            }
-        });
-    }
-
     /** What an EXPR of NUMBERS alone is. */
     private static int alone(String expr) {
         ProofHall hall = Hall.with("var x:8;x=" + expr + ";");
@@ -136,27 +101,94 @@ public final class ValuesTest {
         return x;
     }
 
-    private static void arithmetic() {
-        Hall.sentence("+: the greater WIDTH of both, cut to it", () -> everywhere("+", (x, y, v, w) -> x + y, false, false));
-        Hall.sentence("-: the greater WIDTH of both, cut to it", () -> everywhere("-", (x, y, v, w) -> x - y, false, false));
-        Hall.sentence("*: the greater WIDTH of both, cut to it", () -> everywhere("*", (x, y, v, w) -> x * y, false, false));
-        Hall.sentence("&: the greater WIDTH of both", () -> everywhere("&", (x, y, v, w) -> x & y, false, false));
-        Hall.sentence("|: the greater WIDTH of both", () -> everywhere("|", (x, y, v, w) -> x | y, false, false));
-        Hall.sentence("^: the greater WIDTH of both", () -> everywhere("^", (x, y, v, w) -> x ^ y, false, false));
-        Hall.sentence("/ cut downwards, by 0: 2^w - 1",
-            () -> everywhere("/", (x, y, v, w) -> y == 0 ? -1 : x / y, false, false));
-        Hall.sentence("%, by 0: the first, likewise",
-            () -> everywhere("%", (x, y, v, w) -> y == 0 ? x : x % y, false, false));
-        Hall.sentence("<<: the first one's WIDTH; by as much or more: 0",
-            () -> everywhere("<<", (x, y, v, w) -> y >= v ? 0 : x << y, false, true));
-        Hall.sentence(">>: the first one's WIDTH; by as much or more: 0",
-            () -> everywhere(">>", (x, y, v, w) -> y >= v ? 0 : x >> y, false, true));
-        Hall.sentence("by as much or more: at w - 1, w, w + 1, and where Java's own would begin again", ValuesTest::farShifts);
-        Hall.sentence("by 0, of NUMBERS and of all WIDTHS", ValuesTest::byNothing);
-        Hall.sentence("the WIDTH of an outcome, by what ~ makes of it", ValuesTest::outcomes);
+    static void numberWidths() {
+        for (int n = 0; n <= 255; n++) {
+            int width = Math.max(1, 32 - Integer.numberOfLeadingZeros(n));
+            int number = n;
+            due("~" + number, () -> alone("~" + number), ~number & top(width));
+            due(number + "|~" + number, () -> alone(number + "|~" + number), top(width));
+        }
     }
 
-    private static void farShifts() {
+    static void ranges() {
+        for (int w = 1; w <= 8; w++) {
+            ProofHall hall = Hall.with("input a:" + w + ";var x:" + w + ";var y:8;x=a;y=a;");
+            int width = w;
+            due("least of " + w + " bits", () -> hall.least(0), 0);
+            due("greatest of " + w + " bits", () -> hall.greatest(0), top(width));
+            due("greatest INPUT of " + w + " bits", () -> hall.greatest(1), top(width));
+            due("its witness", () -> hall.witness(0), top(width));
+            due("its greatest", () -> hall.can(0, top(width)), 1);
+            due("one more", () -> hall.can(0, top(width) + 1), 0);
+            due("one less than 0", () -> hall.can(0, -1), 0);
+        }
+    }
+
+    static void greaterWidth() {
+        everywhere("+", (x, y, v, w) -> x + y, false, false);
+        everywhere("-", (x, y, v, w) -> x - y, false, false);
+        everywhere("*", (x, y, v, w) -> x * y, false, false);
+        everywhere("&", (x, y, v, w) -> x & y, false, false);
+        everywhere("|", (x, y, v, w) -> x | y, false, false);
+        everywhere("^", (x, y, v, w) -> x ^ y, false, false);
+    }
+
+    static void divisions() {
+        everywhere("/", (x, y, v, w) -> y == 0 ? -1 : x / y, false, false);
+    }
+
+    static void rests() {
+        everywhere("%", (x, y, v, w) -> y == 0 ? x : x % y, false, false);
+    }
+
+    static void shifts() {
+        everywhere("<<", (x, y, v, w) -> y >= v ? 0 : x << y, false, true);
+        everywhere(">>", (x, y, v, w) -> y >= v ? 0 : x >> y, false, true);
+    }
+
+    static void oneBit() {
+        everywhere("==", (x, y, v, w) -> truth(x == y), true, false);
+        everywhere("!=", (x, y, v, w) -> truth(x != y), true, false);
+        everywhere("<", (x, y, v, w) -> truth(x < y), true, false);
+        everywhere("<=", (x, y, v, w) -> truth(x <= y), true, false);
+        everywhere(">", (x, y, v, w) -> truth(x > y), true, false);
+        everywhere(">=", (x, y, v, w) -> truth(x >= y), true, false);
+        everywhere("&&", (x, y, v, w) -> truth(x != 0 && y != 0), true, false);
+        everywhere("||", (x, y, v, w) -> truth(x != 0 || y != 0), true, false);
+        single("!", (x, y, v, w) -> truth(x == 0), true);
+    }
+
+    static void itsWidth() {
+        single("~", (x, y, v, w) -> ~x, false);
+        single("-", (x, y, v, w) -> -x, false);
+    }
+
+    static void cutToWidth() {
+        for (int w = 1; w <= 8; w++) {
+            ProofHall hall = Hall.with("input a:8;var x:" + w + ";var y:8;x=a;y=x;");
+            int[] asked = {0, 1, top(w) - 1, top(w), top(w) + 1, top(w) + 2, 254, 255};
+            int most = top(w);
+            for (int x : asked) {
+                hall.set(0, x);
+                hall.run();
+                due(x + " in " + w + " bits", () -> hall.value(0), x & 255 & most);
+                due("and read again", () -> hall.value(1), x & 255 & most);
+            }
+            due("greatest", () -> hall.greatest(0), most);
+            due("its witness", () -> hall.witness(0), most);
+            due("one more", () -> hall.can(0, most + 1), 0);
+            due("read again", () -> hall.greatest(1), most);
+        }
+        ProofHall narrow = Hall.with("var x:8;var y:8;x=3;x=x+255;y=1;");
+        narrow.run();
+        due("255 + 3", () -> narrow.value(0), 2);
+        ProofHall wide = Hall.with("var x:8;var y:1;x=255;y=1;x=y;");
+        wide.run();
+        due("what is narrower leaves no bits", () -> wide.value(0), 1);
+        due("nor for a question", () -> wide.least(0), 1);
+    }
+
+    static void farShifts() {
         int[] far = {31, 32, 33, 63, 64, 65, 127, 128, 129, 254, 255};
         for (int w = 1; w <= 8; w++) {
             int most = top(w);
@@ -174,7 +206,7 @@ public final class ValuesTest {
         }
     }
 
-    private static void byNothing() {
+    static void byNothing() {
         for (int w = 1; w <= 8; w++) {
             int most = top(w);
             int half = 1 << w - 1;
@@ -200,7 +232,7 @@ public final class ValuesTest {
     }
 
     /** ~0 of an outcome's WIDTH shows the WIDTH. */
-    private static void outcomes() {
+    static void outcomes() {
         String[] greater = {"+", "-", "*", "&", "|", "^", "/", "%"};
         String[] one = {"==", "!=", "<", "<=", ">", ">=", "&&", "||"};
         for (int wx = 1; wx <= 8; wx++) {
@@ -233,24 +265,6 @@ public final class ValuesTest {
         return so ? 1 : 0;
     }
 
-    private static void comparisons() {
-        Hall.sentence("==: 1 bit (of numbers)", () -> everywhere("==", (x, y, v, w) -> truth(x == y), true, false));
-        Hall.sentence("!=: 1 bit (of numbers)", () -> everywhere("!=", (x, y, v, w) -> truth(x != y), true, false));
-        Hall.sentence("<: 1 bit (of numbers)", () -> everywhere("<", (x, y, v, w) -> truth(x < y), true, false));
-        Hall.sentence("<=: 1 bit (of numbers)", () -> everywhere("<=", (x, y, v, w) -> truth(x <= y), true, false));
-        Hall.sentence(">: 1 bit (of numbers)", () -> everywhere(">", (x, y, v, w) -> truth(x > y), true, false));
-        Hall.sentence(">=: 1 bit (of numbers)", () -> everywhere(">=", (x, y, v, w) -> truth(x >= y), true, false));
-        Hall.sentence("&&: 1 bit (0 or not)", () -> everywhere("&&", (x, y, v, w) -> truth(x != 0 && y != 0), true, false));
-        Hall.sentence("||: 1 bit (0 or not)", () -> everywhere("||", (x, y, v, w) -> truth(x != 0 || y != 0), true, false));
-    }
-
-    private static void oneOperand() {
-        Hall.sentence("!: 1 bit (0 or not)", () -> single("!", (x, y, v, w) -> truth(x == 0), true));
-        Hall.sentence("~: its WIDTH", () -> single("~", (x, y, v, w) -> ~x, false));
-        Hall.sentence("-: its WIDTH", () -> single("-", (x, y, v, w) -> -x, false));
-        Hall.sentence("?: the greater WIDTH of the second and third", ValuesTest::choices);
-    }
-
     private static void single(String sign, Rule rule, boolean oneBit) {
         for (int w = 1; w <= 8; w++) {
             int width = oneBit ? 1 : w;
@@ -278,7 +292,7 @@ public final class ValuesTest {
         }
     }
 
-    private static void choices() {
+    static void choices() {
         for (int w = 1; w <= 8; w++) {
             // The first one's WIDTH doesn't count, and any that isn't 0 picks the second.
             ProofHall hall = Hall.with("input a:" + w + ";var x:8;var y:8;x=a?2:1;y=~(a?1:0);");
@@ -301,48 +315,7 @@ public final class ValuesTest {
         due("~(255?0:1)", () -> alone("~(255?0:1)"), 1);
     }
 
-    private static void settings() {
-        Hall.sentence("What's set is cut to its VARIABLE's WIDTH", () -> {
-            for (int w = 1; w <= 8; w++) {
-                ProofHall hall = Hall.with("input a:8;var x:" + w + ";var y:8;x=a;y=x;");
-                int[] asked = {0, 1, top(w) - 1, top(w), top(w) + 1, top(w) + 2, 254, 255};
-                int most = top(w);
-                for (int x : asked) {
-                    hall.set(0, x);
-                    hall.run();
-                    due(x + " in " + w + " bits", () -> hall.value(0), x & 255 & most);
-                    due("and read again", () -> hall.value(1), x & 255 & most);
-                }
-                due("greatest", () -> hall.greatest(0), most);
-                due("its witness", () -> hall.witness(0), most);
-                due("one more", () -> hall.can(0, most + 1), 0);
-                due("read again", () -> hall.greatest(1), most);
-            }
-            ProofHall narrow = Hall.with("var x:8;var y:8;x=3;x=x+255;y=1;");
-            narrow.run();
-            due("255 + 3", () -> narrow.value(0), 2);
-            ProofHall wide = Hall.with("var x:8;var y:1;x=255;y=1;x=y;");
-            wide.run();
-            due("what is narrower leaves no bits", () -> wide.value(0), 1);
-            due("nor for a question", () -> wide.least(0), 1);
-        });
-    }
-
-    private static void runs() {
-        Hall.sentence("VARIABLES are 0 at first", ValuesTest::zeroAtFirst);
-        Hall.sentence("STATEMENTS in order", ValuesTest::inOrder);
-        Hall.sentence("assert of 0: it FAILS, there", ValuesTest::failsThere);
-        Hall.sentence("assume of 0: it's OUT", ValuesTest::isOut);
-        Hall.sentence("while n: as long as EXPR isn't 0, but at most n times; isn't it then: OUT", ValuesTest::atMost);
-        Hall.sentence("while: EXPR once more; for n 0 once", ValuesTest::onceMore);
-        Hall.sentence("while: for n 0 once, one behind another, in branches and behind them", ValuesTest::manyZeros);
-        Hall.sentence("while in while: each n anew", ValuesTest::loopsInLoops);
-        Hall.sentence("while in while: as deep as can be", ValuesTest::deepLoops);
-        Hall.sentence("if: one STATEMENT or the other, and what it sets, where it FAILS or is OUT", ValuesTest::oneOrTheOther);
-        Hall.sentence("Else it ENDS", ValuesTest::itEnds);
-    }
-
-    private static void zeroAtFirst() {
+    static void zeroAtFirst() {
         ProofHall hall = Hall.with("input a:1;var x:8;var y:8;y=x+1;if(a)x=9;");
         hall.set(0, 1);
         for (int n = 0; n < 3; n++) {
@@ -354,14 +327,14 @@ public final class ValuesTest {
         due("for a question", () -> hall.least(1), 1);
     }
 
-    private static void inOrder() {
+    static void inOrder() {
         ProofHall hall = Hall.with("var x:8;x=x*2+1;x=x*2+1;{x=x*2;x=x*2+1;}x=x*2;");
         hall.run();
         due("x", () -> hall.value(0), 26);
         due("for a question", () -> hall.least(0), 26);
     }
 
-    private static void failsThere() {
+    static void failsThere() {
         ProofHall hall = Hall.with("input a:3;var x:8;x=1;assert a!=1;x=2;assert a;x=3;assert a<200;x=4;assert a-5;x=5;");
         int[] outcome = {1, 1, 0, 0, 0, 1, 0, 0};
         int[] at = {1, 0, -1, -1, -1, 3, -1, -1};
@@ -389,7 +362,7 @@ public final class ValuesTest {
         }
     }
 
-    private static void isOut() {
+    static void isOut() {
         ProofHall hall = Hall.with("input a:2;var x:8;x=1;assume a;x=2;assert a!=1;assume a!=2;x=3;");
         int[] outcome = {2, 1, 2, 0};
         int[] left = {1, 2, 2, 3};
@@ -411,7 +384,7 @@ public final class ValuesTest {
     }
 
     /** a rounds are asked for: n - 1, n, n + 1 and more than the loop has. */
-    private static void atMost() {
+    static void atMost() {
         for (int n = 0; n <= 8; n++) {
             ProofHall hall = Hall.with("input a:4;var x:4;while" + n + "(x!=a)x=x+1;");
             int most = n;
@@ -428,7 +401,7 @@ public final class ValuesTest {
         }
     }
 
-    private static void onceMore() {
+    static void onceMore() {
         // EXPR that isn't 0 behind the last round is OUT, and its STATEMENT isn't come to once more.
         ProofHall hall = Hall.with("input a:3;var x:3;while3(x<a){assert x!=3;x=x+1;}assert x!=2;");
         int[] outcome = {0, 0, 1, 0, 2, 2, 2, 2};
@@ -458,7 +431,7 @@ public final class ValuesTest {
         due("not once", () -> never.greatest(0), 0);
     }
 
-    private static void loopsInLoops() {
+    static void loopsInLoops() {
         ProofHall hall = Hall.with("input a:3;input b:3;var x:8;var y:4;var z:4;"
             + "while3(y<a){y=y+1;z=0;while2(z<b){z=z+1;x=x+1;}}");
         for (int a = 0; a < 8; a++) {
@@ -490,7 +463,7 @@ public final class ValuesTest {
         return ended;
     }
 
-    private static void manyZeros() {
+    static void manyZeros() {
         String start = "input a:2;input b:2;var x:2;";
         due("a", () -> ends(start + "while0(a){}"), 4);
         due("a and b", () -> ends(start + "while0(a){}while0(b){}"), 1);
@@ -531,7 +504,7 @@ public final class ValuesTest {
         }
     }
 
-    private static void deepLoops() {
+    static void deepLoops() {
         String loops = "while1(a)".repeat(29);
         ProofHall fails = Hall.with("input a:1;" + loops + "while1(a)assert 0;");
         due("of 0", fails::run, 0);
@@ -592,7 +565,7 @@ public final class ValuesTest {
         due("for: " + statements, () -> hall.witness(0), wantFailing < 0 ? Hall.MISSING : wantFailing);
     }
 
-    private static void oneOrTheOther() {
+    static void oneOrTheOther() {
         int[] all = {0, 0, 0, 0};
         bothWays("if(a)x=5;", all, new int[] {0, 5, 5, 5}, all);
         bothWays("if(a)x=5;else x=6;", all, new int[] {6, 5, 5, 5}, all);
@@ -611,7 +584,7 @@ public final class ValuesTest {
         bothWays("while2(x<a){x=x+1;assert x!=2||a==3;}", new int[] {0, 0, 1, 2}, new int[] {0, 1, 2, 2}, all);
     }
 
-    private static void itEnds() {
+    static void itEnds() {
         due("nothing at all", () -> Hall.with("").run(), 0);
         due("assert of 1", () -> Hall.with("assert 1;").run(), 0);
         due("assert of 128", () -> Hall.with("assert 128;").run(), 0);
