@@ -1147,7 +1147,7 @@ final class CallSentences {
             int what = i;
             due("without", () -> hall.count(what), 0);
         }
-        Hall.feed(hall, "input a:1;input b:1;var x:1;x=a;assert x;assert b;assume a;");
+        Hall.feed(hall, "input a:3;input b:2;var x:4;x=a;assert x;assert b;assume a;");
         due("fed, not built", () -> hall.count(3), 0);
         due("build", hall::build, 2);
         int[] want = {2, 1, 2, 32};

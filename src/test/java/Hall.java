@@ -103,7 +103,12 @@ final class Hall {
         sentence = heading + "\"" + words + "\": ";
         WORDS.add(words);
         for (Runnable test : tests) {
-            test.run();
+            try {
+                test.run();
+            } catch (RuntimeException e) {
+                wrong++;
+                System.out.println(sentence + "answered no more, but threw " + e + " at " + e.getStackTrace()[0]);
+            }
         }
         sentence = "";
     }

@@ -211,6 +211,10 @@ final class TextSentences {
             }
         }
         good("var x:1;{x=(1)?!x:~x;}");
+        String[] doubles = {"==", "!=", "<=", ">=", "<<", ">>", "&&", "||"};
+        for (String both : doubles) {
+            good("assert 1" + both + "1;");
+        }
         for (int b = 0; b < 256; b++) {
             boolean before = b == '!' || b == '~' || b == '-';
             boolean fine = before || b >= '0' && b <= '9' || b == 32 || b == 10;
@@ -266,6 +270,10 @@ final class TextSentences {
         form("", "var", "x", ":", "1", ";");
         form("", "input", "x", ":", "1", ";");
         form("var y:1;", "input", "x", ":", "1", ";");
+        syntax("var x $1;");
+        syntax("var x:1 $var y:1;");
+        syntax("var $:1;");
+        syntax("var x:$;");
         syntax("var x:$x;");
         syntax("var x:$(1);");
         syntax("var x:1$+1;");
@@ -289,7 +297,9 @@ final class TextSentences {
     static void ifForm() {
         form("", "if", "(", "1", ")", "assert", "1", ";");
         form("", "if", "(", "1", ")", "{", "}", "else", "{", "}", "assert", "1", ";");
-        syntax("if $1{}");
+        syntax("if $1){}");
+        syntax("if(1 ${}");
+        syntax("if(1 $assert 1;");
         syntax("if($){}");
         syntax("if(1)$");
         syntax("if(1)$else{}");
@@ -314,6 +324,9 @@ final class TextSentences {
         syntax("while $x(1){}");
         syntax("while 1 $1(1){}");
         syntax("while1($){}");
+        syntax("while1 $1){}");
+        syntax("while1(1 ${}");
+        syntax("while1(1 $assert 1;");
         syntax("while1(1)$");
         syntax("while1(1){}$else{}");
         syntax("while1 ${}");
@@ -566,6 +579,9 @@ final class TextSentences {
         due("--5", () -> worth("--5"), 5);
         due("-~5", () -> worth("-~5"), 6);
         due("~-5", () -> worth("~-5"), 4);
+        due("!0*4, not !(0*4)", () -> worth("!0*4"), 4);
+        due("~5*7, not ~(5*7)", () -> worth("~5*7"), 6);
+        due("-3%2, not -(3%2)", () -> worth("-3%2"), 1);
         due("8- -3", () -> worth("8- -3"), 7);
         due("8-!3", () -> worth("8-!3"), 8);
         due("-(5)", () -> worth("-(5)"), 3);
