@@ -1,5 +1,4 @@
 import java.lang.reflect.Constructor;
-import java.lang.reflect.Field;
 import java.lang.reflect.Method;
 
 /**
@@ -73,7 +72,6 @@ public final class CheckerTest {
         forgets();
         noClause();
         questions();
-        counted();
         System.out.println(wrong == 0 ? "the checker refuses what it must" : wrong + " wrong");
         if (wrong != 0) {
             System.exit(1);
@@ -89,34 +87,6 @@ public final class CheckerTest {
             wrong++;
             System.out.println(what);
         }
-    }
-
-    private static void put(Object who, String name, Object what) throws ReflectiveOperationException {
-        Field f = who.getClass().getDeclaredField(name);
-        f.setAccessible(true);
-        f.set(who, what);
-    }
-
-    /** What must never be is put in by force: count(9) counts all of it. */
-    private static void counted() throws ReflectiveOperationException {
-        ProofHall hall = Hall.with("input a:4;var x:4;x=a+1;assert a!=9;");
-        Object inquiry = Inside.part(hall, "inquiry");
-        put(checkerOf(hall), "wrong", 1);
-        must(hall.count(9) == 1, "steps that didn't check: " + hall.count(9));
-        put(Inside.part(inquiry, "solver", "clauses"), "lost", 2);
-        must(hall.count(9) == 3, "clauses that were lost: " + hall.count(9));
-        put(inquiry, "wrong", 4);
-        must(hall.count(9) == 7, "answers that weren't models: " + hall.count(9));
-        put(Inside.part(inquiry, "encoder", "words", "circuit"), "lost", 8);
-        must(hall.count(9) == 15, "gates that were lost: " + hall.count(9));
-        put(inquiry, "found", true);
-        call(inquiry, "verdict", true);
-        must(hall.count(9) == 15, "a model: " + hall.count(9));
-        call(inquiry, "verdict", false);
-        must(hall.count(9) == 16, "one that wasn't: " + hall.count(9));
-        put(inquiry, "found", false);
-        call(inquiry, "verdict", false);
-        must(hall.count(9) == 16, "none at all: " + hall.count(9));
     }
 
     /** The hint of what has no reason is none. */

@@ -234,7 +234,7 @@ public final class DocumentTest {
         Hall.sentence("the assertion at which the latest RUN FAILED (7), -1 without", CallSentences::countsFailed);
         Hall.sentence("1 if there's a WITNESS (8)", CallSentences::countsWitness);
         Hall.sentence("steps of proofs that didn't check, and answers that weren't models, which must never be (9)",
-            CallSentences::countsNever);
+            CallSentences::countsNever, ProofSentences::countsWrong, ProofSentences::noModels);
         Hall.sentence("else -1.", CallSentences::countsElse);
     }
 

@@ -24,6 +24,16 @@ final class Inside {
         return at;
     }
 
+    static void put(Object who, String name, Object what) {
+        try {
+            Field f = who.getClass().getDeclaredField(name);
+            f.setAccessible(true);
+            f.set(who, what);
+        } catch (ReflectiveOperationException e) {
+            throw new IllegalStateException(name, e);
+        }
+    }
+
     /** How many steps of proofs have been checked. */
     static int steps(ProofHall hall) {
         return (Integer) part(hall, "inquiry", "solver", "checker", "step");

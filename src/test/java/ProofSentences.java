@@ -56,6 +56,39 @@ final class ProofSentences {
         no("no lesser WITNESS", first, first::fails, 1);
     }
 
+    /** What must never be is put in by force: count(9) counts all of it, and forgets none. */
+    static void countsWrong() {
+        ProofHall hall = Hall.with("input a:4;var x:4;x=a+1;assert a!=9;");
+        Inside.put(Inside.part(hall, "inquiry", "solver", "checker"), "wrong", 1);
+        Hall.due("a step that didn't check", () -> hall.count(9), 1);
+        Inside.put(Inside.part(hall, "inquiry", "solver", "clauses"), "lost", 2);
+        Hall.due("clauses that were lost", () -> hall.count(9), 3);
+        Inside.put(Inside.part(hall, "inquiry"), "wrong", 4);
+        Hall.due("answers that weren't models", () -> hall.count(9), 7);
+        Inside.put(Inside.part(hall, "inquiry", "encoder", "words", "circuit"), "lost", 8);
+        Hall.due("gates that were lost", () -> hall.count(9), 15);
+        Hall.due("fails", hall::fails, 1);
+        Hall.due("a question that is right counts none", () -> hall.count(9), 15);
+        Hall.feed(hall, "assert 0;");
+        Hall.due("build", hall::build, 1);
+        Hall.due("another PROGRAM takes none away", () -> hall.count(9), 15);
+    }
+
+    /** The answers hang on another PROGRAM than the RUNS by which they are tried: none of them is a model. */
+    static void noModels() {
+        String text = "input a:4;var x:4;var y:4;x=a;assert a!=9;";
+        String[] questions = {"fails", "failsAt", "least", "greatest", "differ", "can", "ends"};
+        for (int i = 0; i < questions.length; i++) {
+            ProofHall hall = Hall.with(text);
+            ProofHall other = Hall.with("input a:4;var x:4;var y:4;assume 0;");
+            Inside.put(Inside.part(hall, "inquiry"), "program", Inside.part(other, "program"));
+            IntSupplier[] calls = {hall::fails, () -> hall.failsAt(0), () -> hall.least(0), () -> hall.greatest(0),
+                () -> hall.differ(0, 1), () -> hall.can(0, 3), hall::ends};
+            Hall.outcome(calls[i]);
+            Hall.must(questions[i] + " isn't tried in a RUN", hall.count(9) > 0);
+        }
+    }
+
     /** All that it holds is of its own classes and rows of numbers, and no call makes it more. */
     static void ownRows() {
         ProofHall hall = new ProofHall();
